@@ -162,12 +162,14 @@ public final class GoalHouse {
         }
         Program p = new Program();
         reader.start(tape, size, p, kit);
-        reader.source();
+        reader.read();
+        reader.resolve();
         size = 0;
         noteFault();
         if (fault != 0) {
             return -10 - faultPlace;
         }
+        p.writeAll(kit);
         programs[free] = p;
         return free;
     }
@@ -367,7 +369,9 @@ public final class GoalHouse {
         Program text = new Program();
         Proc goal = new Proc("", Proc.GOAL);
         reader.start(tape, size, text, kit);
-        reader.goal(goal, r.program);
+        reader.startGoal(goal);
+        reader.read();
+        reader.resolveGoal(goal, r.program);
         size = 0;
         noteFault();
         r.setGoal(fault == 0 ? goal : null);
@@ -385,7 +389,9 @@ public final class GoalHouse {
         if (STEPS - kit.steps < n) {
             return FULL;
         }
-        return r.nextResult(n);
+        r.toNextResult();
+        r.go(n);
+        return r.told[Run.OUTCOME];
     }
 
     public int told(int run, int what) {
@@ -413,7 +419,11 @@ public final class GoalHouse {
         if (v == null) {
             return NO;
         }
-        kit.image(v);
+        if (v.isLiteral()) {
+            kit.literal(v);
+        } else {
+            kit.image(v);
+        }
         shownSize = Math.min(kit.imageSize, shown.length);
         System.arraycopy(kit.image, 0, shown, 0, shownSize);
         return shownSize;
@@ -564,6 +574,10 @@ public final class GoalHouse {
             return v;
         }
 
+        boolean isLiteral() {
+            return kind >= WHOLE && kind <= SET;
+        }
+
         boolean isCell() {
             return kind >= CELL;
         }
@@ -636,11 +650,12 @@ public final class GoalHouse {
         }
 
         private static boolean sameText(Val a, Val b) {
-            if (a.len != b.len) {
+            int last = a.len - 1;
+            if (a.len != b.len || last >= 0 && (a.bytes == null || b.bytes == null)) {
                 return false;
             }
-            for (int i = 0; i < a.len; i++) {
-                if (a.at(i) != b.at(i)) {
+            for (int i = 0; i <= last && a.off + last < a.bytes.length && b.off + last < b.bytes.length; i++) {
+                if (a.bytes[a.off + i] != b.bytes[b.off + i]) {
                     return false;
                 }
             }
@@ -672,8 +687,8 @@ public final class GoalHouse {
                     }
                     return h;
                 case TEXT:
-                    for (int i = 0; i < len; i++) {
-                        h = h * 31 + at(i);
+                    for (int i = 0; i < len && bytes != null && off + i < bytes.length; i++) {
+                        h = h * 31 + bytes[off + i];
                     }
                     return h;
                 case SET:
@@ -738,7 +753,8 @@ public final class GoalHouse {
         }
 
         static Thing row(int kind, int n) {
-            Thing t = make(kind);
+            Thing t = new Thing(kind);
+            t.self.thing = t;
             t.items = new Val[Math.max(0, n)];
             return t;
         }
@@ -819,26 +835,27 @@ public final class GoalHouse {
             return -1;
         }
 
-        /** A key or member, which is not there yet, comes. */
-        void add(Val key, Val cell) {
+        /** Makes room for one more key or member. */
+        void makeRoom() {
             if (keys == null || used >= keys.length) {
-                widen(Math.max(8, 2 * used));
-            }
-            if (used < keys.length) {
-                keys[used] = key;
-                if (items != null && used < items.length) {
-                    items[used] = cell;
-                }
-                link(used, key);
-                used++;
-                size++;
+                widen(2 * used);
             }
         }
 
-        private void link(int slot, Val key) {
+        /** A key or member, which is not there yet, comes; there is room for it. */
+        void add(Val key, Val cell) {
+            if (keys == null || used >= keys.length) {
+                return;
+            }
+            keys[used] = key;
+            if (items != null && used < items.length) {
+                items[used] = cell;
+            }
             int h = key.hash() & heads.length - 1;
-            links[slot] = heads[h];
-            heads[h] = slot;
+            links[used] = heads[h];
+            heads[h] = used;
+            used++;
+            size++;
         }
 
         void widen(int room) {
@@ -861,7 +878,9 @@ public final class GoalHouse {
             Arrays.fill(heads, -1);
             for (int i = 0; i < used; i++) {
                 if (keys[i] != null) {
-                    link(i, keys[i]);
+                    int h = keys[i].hash() & width - 1;
+                    links[i] = heads[h];
+                    heads[h] = i;
                 }
             }
         }
@@ -1102,6 +1121,8 @@ public final class GoalHouse {
         static final int MAKER = 1;
         static final int LIBRARY = 2;
         static final int GOAL = 3;
+        /** An item that tells globals. */
+        static final int GLOBALS = 4;
 
         final String name;
         final int kind;
@@ -1111,6 +1132,8 @@ public final class GoalHouse {
         final ArrayList<Node> names = new ArrayList<Node>();
         final ArrayList<Node> statics = new ArrayList<Node>();
         int params;
+        /** How many of names are told. */
+        int told;
         boolean rest;
         int staticBase;
         Node first;
@@ -1162,6 +1185,8 @@ public final class GoalHouse {
         final ArrayList<Proc> procs = new ArrayList<Proc>();
         final ArrayList<Proc> records = new ArrayList<Proc>();
         final ArrayList<Node> globals = new ArrayList<Node>();
+        /** In the order of the source. */
+        final ArrayList<Proc> items = new ArrayList<Proc>();
         final StringBuilder written = new StringBuilder();
         int staticCount;
         private boolean glue = true;
@@ -1270,13 +1295,22 @@ public final class GoalHouse {
             }
         }
 
-        void writeGlobals(int from) {
-            names("global", globals, from, globals.size());
-            endLine(true);
+        void writeAll(Kit kit) {
+            for (int i = 0; i < items.size(); i++) {
+                Proc p = items.get(i);
+                if (p.kind == Proc.GLOBALS) {
+                    names("global", p.names, 0, p.names.size());
+                    endLine(true);
+                } else if (p.kind == Proc.MAKER) {
+                    writeHead("record", p, p.names.size());
+                } else {
+                    writeProc(p, kit);
+                }
+            }
         }
 
         /** The first line of a procedure, or a record. */
-        void writeHead(String word, Proc p, int count) {
+        private void writeHead(String word, Proc p, int count) {
             word(word, false, false);
             word(p.name, false, false);
             word("(", true, true);
@@ -1294,11 +1328,11 @@ public final class GoalHouse {
             endLine(true);
         }
 
-        void writeProc(Proc p, Kit kit) {
+        private void writeProc(Proc p, Kit kit) {
             writeHead("procedure", p, p.params);
-            if (p.names.size() > p.params) {
+            if (p.told > p.params) {
                 indent();
-                names("local", p.names, p.params, p.names.size());
+                names("local", p.names, p.params, p.told);
                 endLine(true);
             }
             if (p.statics.size() > 0) {
@@ -1352,13 +1386,23 @@ public final class GoalHouse {
                 } else if (way >= SIGN) {
                     int k = (way - SIGN) / 100;
                     word(wordOf(SIGNS, way % 100), k == 1 || k == 3, k >= 2);
+                } else if (n != null && way == PLAIN_EXPRESSION && n.lit != null && n.kind >= Node.NUMBER && n.kind <= Node.SET) {
+                    writeLiteral(n.lit, kit);
                 } else if (n != null) {
-                    writeNode(n, way, kit);
+                    writeNode(n, way);
                 }
             }
         }
 
-        private void writeNode(Node n, int way, Kit kit) {
+        private void writeLiteral(Val v, Kit kit) {
+            kit.literal(v);
+            word("", false, false);
+            for (int i = 0; i < kit.imageSize; i++) {
+                written.append((char) (kit.image[i] & 255));
+            }
+        }
+
+        private void writeNode(Node n, int way) {
             switch (way) {
                 case OPERAND:
                 case INNER:
@@ -1384,7 +1428,7 @@ public final class GoalHouse {
                     word(n.name, true, false);
                     break;
                 default:
-                    writeExpression(n, kit);
+                    writeExpression(n);
             }
         }
 
@@ -1416,15 +1460,10 @@ public final class GoalHouse {
             }
         }
 
-        private void writeExpression(Node n, Kit kit) {
+        private void writeExpression(Node n) {
             switch (n.kind) {
                 case Node.NAME:
                     word(n.name, false, false);
-                    break;
-                case Node.NUMBER:
-                case Node.TEXT:
-                case Node.SET:
-                    word(kit.imageText(n.lit), false, false);
                     break;
                 case Node.KEY:
                     word("&", false, true);
@@ -1547,6 +1586,34 @@ public final class GoalHouse {
         private static final int SUSPENDED = 37;
         private static final int SUSPEND_BODY = 38;
 
+        // Where the next word stands.
+        private static final int ITEM = 0;
+        private static final int ITEM_END = 1;
+        private static final int GLOBAL_NAME = 2;
+        private static final int GLOBAL_NEXT = 3;
+        private static final int TITLE = 4;
+        private static final int TITLE_OPEN = 5;
+        private static final int LIST_FIRST = 6;
+        private static final int LIST_NAME = 7;
+        private static final int LIST_NEXT = 8;
+        private static final int LIST_REST = 9;
+        private static final int LIST_LAST = 10;
+        private static final int HEAD_END = 11;
+        private static final int PARTS = 12;
+        private static final int OWN_LOCAL = 13;
+        private static final int OWN_STATIC = 14;
+        private static final int LOCAL_NEXT = 15;
+        private static final int STATIC_NEXT = 16;
+        private static final int BODY = 17;
+        private static final int INITIAL_END = 18;
+        private static final int BODY_END = 19;
+        private static final int GOAL_END = 20;
+        private static final int EXPRESSION = 21;
+        private static final int WANT_BRACE = 22;
+        private static final int WANT_COLON = 23;
+        private static final int WANT_FIELD = 24;
+        private static final int READ = 25;
+
         private static final int MOST_OPEN = 60;
         private static final int MOST_NODES = 1500;
         private static final long ENDERS = 1L << BREAK | 1L << END | 1L << FAIL | 1L << NEXT | 1L << RETURN | 1L << SUSPEND;
@@ -1568,7 +1635,9 @@ public final class GoalHouse {
         int fault;
         int faultAt;
         private Program program;
+        /** The item that is read, or the goal. */
         private Proc proc;
+        private int state;
         private final int[] types = new int[700];
         private final Node[] nodes = new Node[700];
         private final Node[] loops = new Node[700];
@@ -1591,6 +1660,7 @@ public final class GoalHouse {
             faultAt = 0;
             program = p;
             proc = null;
+            state = ITEM;
             barred = 0;
         }
 
@@ -1879,60 +1949,42 @@ public final class GoalHouse {
 
         // ---- items
 
-        void source() {
+        /** Takes word by word. */
+        void read() {
             next();
-            for (int g = 0; g < LOOPS && fault == 0; g++) {
-                ends(false);
-                if (fault != 0 || isEnd()) {
-                    break;
-                }
-                item();
-                if (fault == 0 && !isSign(SEMI) && !isEnd()) {
-                    fail(2, place);
-                }
-            }
-            if (fault == 0) {
-                resolve();
-            }
-        }
-
-        /** Goes behind all ; that stand here. */
-        private void ends(boolean wanted) {
-            if (wanted && !isSign(SEMI)) {
-                fail(2, place);
-            }
-            for (int g = 0; g < LOOPS && fault == 0 && isSign(SEMI); g++) {
-                next();
-            }
-        }
-
-        private void expect(int sign) {
-            if (fault == 0) {
-                if (isSign(sign)) {
-                    next();
+            for (int g = 0; g < LOOPS && fault == 0 && state != READ; g++) {
+                boolean used;
+                if (state == EXPRESSION) {
+                    used = left == null ? operand() : behind();
+                } else if (state > EXPRESSION) {
+                    used = wanted();
+                } else if (state >= PARTS) {
+                    used = inProcedure();
                 } else {
-                    fail(2, place);
+                    used = state < TITLE ? item() : head();
+                }
+                if (used && fault == 0) {
+                    next();
                 }
             }
+        }
+
+        /** Goes on there if this is the sign. */
+        private boolean takes(int sign, int then) {
+            if (!isSign(sign)) {
+                fail(2, place);
+                return false;
+            }
+            state = then;
+            return true;
         }
 
         private boolean atName() {
-            if (fault == 0 && (semi || kind != NAME)) {
+            if (semi || kind != NAME) {
                 fail(2, place);
+                return false;
             }
-            return fault == 0;
-        }
-
-        private void item() {
-            if (isWord(GLOBAL)) {
-                globals();
-            } else if (isWord(RECORD)) {
-                record();
-            } else if (isWord(PROCEDURE)) {
-                procedure();
-            } else {
-                fail(2, place);
-            }
+            return true;
         }
 
         private Node nameNode() {
@@ -1941,161 +1993,214 @@ public final class GoalHouse {
             return n;
         }
 
-        private void globals() {
-            int from = program.globals.size();
-            next();
-            for (int g = 0; g < LOOPS && atName(); g++) {
-                if (program.taken(name)) {
-                    fail(3, place);
-                } else if (program.globals.size() >= 60) {
-                    fail(4, place);
-                } else {
-                    program.globals.add(nameNode());
-                    next();
-                }
-                if (fault != 0 || !isSign(COMMA)) {
-                    break;
-                }
-                next();
-            }
-            if (fault == 0) {
-                program.writeGlobals(from);
+        private boolean item() {
+            switch (state) {
+                case GLOBAL_NAME:
+                    return globalName();
+                case GLOBAL_NEXT:
+                    if (!isSign(COMMA)) {
+                        state = ITEM_END;
+                        return false;
+                    }
+                    state = GLOBAL_NAME;
+                    return true;
+                default:
+                    if (isEnd()) {
+                        state = READ;
+                        return false;
+                    }
+                    return isSign(SEMI) || state == ITEM_END ? takes(SEMI, ITEM) : beginItem();
             }
         }
 
-        private Proc titled(int kind, ArrayList<Proc> list, int most) {
-            next();
+        private boolean beginItem() {
+            if (isWord(GLOBAL)) {
+                proc = new Proc("", Proc.GLOBALS);
+                program.items.add(proc);
+                state = GLOBAL_NAME;
+            } else if (isWord(RECORD) || isWord(PROCEDURE)) {
+                state = TITLE;
+                proc = new Proc("", id == RECORD ? Proc.MAKER : Proc.SOURCE);
+            } else {
+                fail(2, place);
+            }
+            return true;
+        }
+
+        private boolean globalName() {
             if (!atName()) {
-                return null;
+                return false;
             }
             if (program.taken(name)) {
                 fail(3, place);
-            } else if (list.size() >= most) {
+            } else if (program.globals.size() >= 60) {
                 fail(4, place);
             }
-            Proc p = Proc.make(name, kind, list.size());
-            p.place = place;
-            if (fault == 0) {
-                list.add(p);
-                next();
-                expect(LPAR);
-            }
-            return p;
+            Node n = nameNode();
+            program.globals.add(n);
+            proc.names.add(n);
+            state = GLOBAL_NEXT;
+            return true;
         }
 
-        private void record() {
-            Proc p = titled(Proc.MAKER, program.records, 20);
-            if (p == null || fault != 0) {
-                return;
-            }
-            if (!isSign(RPAR)) {
-                for (int g = 0; g < LOOPS && atName(); g++) {
-                    if (Proc.find(p.names, name) >= 0) {
-                        fail(3, place);
-                    } else if (p.names.size() >= 8) {
-                        fail(4, place);
-                    } else {
-                        p.names.add(nameNode());
-                        next();
+        /** The first line of a record or procedure. */
+        private boolean head() {
+            switch (state) {
+                case TITLE:
+                    return title();
+                case TITLE_OPEN:
+                    return takes(LPAR, LIST_FIRST);
+                case LIST_FIRST:
+                    if (isSign(RPAR)) {
+                        return endList();
                     }
-                    if (fault != 0 || !isSign(COMMA)) {
-                        break;
+                    state = LIST_NAME;
+                    return false;
+                case LIST_NAME:
+                    return proc.kind == Proc.MAKER ? fieldName() : ownName(proc.names, LIST_NEXT);
+                case LIST_NEXT:
+                    if (isSign(RPAR)) {
+                        return endList();
                     }
-                    next();
-                }
-            }
-            expect(RPAR);
-            if (fault == 0) {
-                program.writeHead("record", p, p.names.size());
-            }
-        }
-
-        /** NAMES of the procedure that is read, with , between. */
-        private void own(ArrayList<Node> list) {
-            for (int g = 0; g < LOOPS && atName(); g++) {
-                if (Proc.find(proc.names, name) >= 0 || Proc.find(proc.statics, name) >= 0) {
-                    fail(3, place);
-                } else if (proc.names.size() + proc.statics.size() >= 30) {
-                    fail(4, place);
-                } else {
-                    list.add(nameNode());
-                    next();
-                }
-                if (fault != 0 || !isSign(COMMA)) {
-                    break;
-                }
-                next();
-            }
-        }
-
-        private void procedure() {
-            proc = titled(Proc.SOURCE, program.procs, 40);
-            if (proc == null || fault != 0) {
-                return;
-            }
-            if (!isSign(RPAR)) {
-                own(proc.names);
-                proc.params = proc.names.size();
-                if (fault == 0 && isSign(LBRACKET)) {
-                    next();
-                    expect(RBRACKET);
+                    if (isSign(LBRACKET) && proc.kind == Proc.SOURCE) {
+                        state = LIST_REST;
+                        return true;
+                    }
+                    return takes(COMMA, LIST_NAME);
+                case LIST_REST:
                     proc.rest = true;
-                }
-            }
-            expect(RPAR);
-            if (fault == 0) {
-                ends(true);
-            }
-            parts();
-            body();
-            if (fault == 0) {
-                program.writeProc(proc, kit);
+                    return takes(RBRACKET, LIST_LAST);
+                case LIST_LAST:
+                    return isSign(RPAR) ? endList() : takes(RPAR, LIST_LAST);
+                default:
+                    return takes(SEMI, PARTS);
             }
         }
 
-        private void parts() {
-            for (int g = 0; g < LOOPS && fault == 0 && (isWord(LOCAL) || isWord(STATIC)); g++) {
-                boolean local = isWord(LOCAL);
-                next();
-                own(local ? proc.names : proc.statics);
-                if (fault == 0) {
-                    ends(true);
-                }
+        private boolean title() {
+            if (!atName()) {
+                return false;
             }
-            if (fault == 0 && isWord(INITIAL)) {
-                next();
+            boolean record = proc.kind == Proc.MAKER;
+            ArrayList<Proc> list = record ? program.records : program.procs;
+            if (program.taken(name)) {
+                fail(3, place);
+            } else if (list.size() >= (record ? 20 : 40)) {
+                fail(4, place);
+            }
+            proc = Proc.make(name, proc.kind, list.size());
+            proc.place = place;
+            list.add(proc);
+            program.items.add(proc);
+            state = TITLE_OPEN;
+            return true;
+        }
+
+        private boolean endList() {
+            proc.params = proc.names.size();
+            state = proc.kind == Proc.MAKER ? ITEM_END : HEAD_END;
+            return true;
+        }
+
+        private boolean fieldName() {
+            if (!atName()) {
+                return false;
+            }
+            if (Proc.find(proc.names, name) >= 0) {
+                fail(3, place);
+            } else if (proc.names.size() >= 8) {
+                fail(4, place);
+            }
+            proc.names.add(nameNode());
+            state = LIST_NEXT;
+            return true;
+        }
+
+        /** A NAME of the procedure's list, locals or statics. */
+        private boolean ownName(ArrayList<Node> list, int then) {
+            if (!atName()) {
+                return false;
+            }
+            if (Proc.find(proc.names, name) >= 0 || Proc.find(proc.statics, name) >= 0) {
+                fail(3, place);
+            } else if (proc.names.size() + proc.statics.size() >= 30) {
+                fail(4, place);
+            }
+            list.add(nameNode());
+            state = then;
+            return true;
+        }
+
+        private boolean inProcedure() {
+            switch (state) {
+                case PARTS:
+                    return beginPart();
+                case OWN_LOCAL:
+                    return ownName(proc.names, LOCAL_NEXT);
+                case OWN_STATIC:
+                    return ownName(proc.statics, STATIC_NEXT);
+                case LOCAL_NEXT:
+                    return isSign(COMMA) ? takes(COMMA, OWN_LOCAL) : takes(SEMI, PARTS);
+                case STATIC_NEXT:
+                    return isSign(COMMA) ? takes(COMMA, OWN_STATIC) : takes(SEMI, PARTS);
+                case BODY:
+                    return inBody();
+                case INITIAL_END:
+                    return takes(SEMI, BODY);
+                case BODY_END:
+                    if (isWord(END)) {
+                        state = BODY;
+                        return false;
+                    }
+                    return takes(SEMI, BODY);
+                default:
+                    if (!isEnd()) {
+                        fail(2, place);
+                    }
+                    state = READ;
+                    return false;
+            }
+        }
+
+        private boolean beginPart() {
+            if (isSign(SEMI)) {
+                return true;
+            }
+            if (isWord(LOCAL) || isWord(STATIC)) {
+                state = isWord(LOCAL) ? OWN_LOCAL : OWN_STATIC;
+                return true;
+            }
+            if (isWord(INITIAL)) {
                 barred++;
-                proc.first = expression();
-                barred--;
-                if (fault == 0) {
-                    ends(true);
-                }
+                beginExpression();
+                return true;
             }
+            state = BODY;
+            return false;
         }
 
-        private void body() {
-            proc.body = new Node(Node.BRACE, 0, 0);
-            for (int g = 0; g < LOOPS && fault == 0; g++) {
-                ends(false);
-                if (fault == 0 && isWord(END)) {
-                    next();
-                    return;
-                }
-                proc.body.add(expression());
-                if (fault == 0 && !isSign(SEMI) && !isWord(END)) {
-                    fail(2, place);
-                }
+        private boolean inBody() {
+            if (proc.body == null) {
+                proc.body = new Node(Node.BRACE, 0, 0);
             }
+            if (isSign(SEMI)) {
+                return true;
+            }
+            if (isWord(END)) {
+                state = ITEM_END;
+                return true;
+            }
+            beginExpression();
+            return false;
         }
 
-        void goal(Proc goal, Program of) {
+        void startGoal(Proc goal) {
             proc = goal;
             barred = 1;
-            next();
-            goal.first = expression();
-            if (fault == 0 && !isEnd()) {
-                fail(2, place);
-            }
+            beginExpression();
+        }
+
+        void resolveGoal(Proc goal, Program of) {
             for (int i = 0; fault == 0 && i < program.nodes.size(); i++) {
                 Node n = program.nodes.get(i);
                 n.id = -1;
@@ -2108,13 +2213,14 @@ public final class GoalHouse {
             }
         }
 
-        private void resolve() {
-            for (int i = 0; i < program.procs.size(); i++) {
+        void resolve() {
+            for (int i = 0; fault == 0 && i < program.procs.size(); i++) {
                 Proc p = program.procs.get(i);
+                p.told = p.names.size();
                 p.staticBase = program.staticCount;
                 program.staticCount += p.statics.size();
             }
-            for (int i = 0; i < program.nodes.size(); i++) {
+            for (int i = 0; fault == 0 && i < program.nodes.size(); i++) {
                 Node n = program.nodes.get(i);
                 if (n.kind == Node.NAME && n.proc >= 0 && n.proc < program.procs.size()) {
                     resolveName(n, program.procs.get(n.proc), program);
@@ -2154,19 +2260,42 @@ public final class GoalHouse {
 
         // ---- expressions
 
-        private Node expression() {
+        private void beginExpression() {
             top = 0;
             open = 0;
             left = null;
             loop = null;
-            for (int g = 0; g < LOOPS && fault == 0; g++) {
-                if (left == null) {
-                    operand();
-                } else if (behind()) {
-                    return left;
-                }
+            state = EXPRESSION;
+        }
+
+        /** The expression is whole. */
+        private void endExpression() {
+            if (proc.kind == Proc.GOAL) {
+                proc.first = left;
+                state = GOAL_END;
+            } else if (proc.body == null) {
+                proc.first = left;
+                barred--;
+                state = INITIAL_END;
+            } else {
+                proc.body.add(left);
+                state = BODY_END;
             }
-            return null;
+        }
+
+        /** A word that something open wants behind another one. */
+        private boolean wanted() {
+            if (state == WANT_FIELD) {
+                if (atName()) {
+                    left.name = name;
+                }
+                state = EXPRESSION;
+                return true;
+            }
+            if (state == WANT_BRACE && isSign(LBRACE)) {
+                countOpen();
+            }
+            return takes(state == WANT_BRACE ? LBRACE : COLON, EXPRESSION);
         }
 
         private void register(Node n) {
@@ -2234,10 +2363,9 @@ public final class GoalHouse {
             return kind != WORD || (BEGINNERS >>> id & 1) != 0;
         }
 
-        private void operand() {
+        private boolean operand() {
             if (!begins()) {
-                instead();
-                return;
+                return instead();
             }
             if (kind == SIGN) {
                 openSign();
@@ -2249,9 +2377,7 @@ public final class GoalHouse {
                 n.lit = lit;
                 left = n;
             }
-            if (fault == 0) {
-                next();
-            }
+            return true;
         }
 
         private void openSign() {
@@ -2322,15 +2448,20 @@ public final class GoalHouse {
         }
 
         /** The word can't begin an expression where one may begin: what it may be then. */
-        private void instead() {
+        private boolean instead() {
             int type = top > 0 ? types[top - 1] : 0;
             Node n = top > 0 ? nodes[top - 1] : null;
             if (n == null) {
                 fail(2, place);
-            } else if ((type == RETURNED || type == SUSPENDED) && n.kids == 0) {
-                pop();
-                left = n;
-            } else if (isSign(RPAR) && type == PAREN) {
+                return false;
+            }
+            boolean list = type == ARGUMENTS || type == ELEMENTS;
+            boolean row = type == SEQUENCE || type == CASE_KEY;
+            if ((type == RETURNED || type == SUSPENDED) && n.kids == 0) {
+                shut(n);
+                return false;
+            }
+            if (isSign(RPAR) && type == PAREN) {
                 register(n);
                 shut(n);
             } else if (isSign(RPAR) && type == ARGUMENTS || isSign(RBRACKET) && type == ELEMENTS) {
@@ -2338,37 +2469,32 @@ public final class GoalHouse {
                     n.add(omitted());
                 }
                 shut(n);
-            } else if (isSign(COMMA) && (type == ARGUMENTS || type == ELEMENTS)) {
+            } else if (isSign(COMMA) && list) {
                 n.add(omitted());
-                next();
-            } else if (isSign(RBRACE) && (type == SEQUENCE || type == CASE_KEY)) {
+            } else if (isSign(RBRACE) && row) {
                 open -= type == CASE_KEY ? 1 : 0;
                 shut(n);
-            } else if (isSign(SEMI) && (type == SEQUENCE || type == CASE_KEY)) {
-                next();
             } else if (isWord(DEFAULT) && type == CASE_KEY) {
                 byDefault(n);
-            } else {
+            } else if (!isSign(SEMI) || !row) {
                 fail(2, place);
             }
+            return true;
         }
 
         private void byDefault(Node n) {
-            if (n.slot == 1 || top == 0) {
+            if (n.slot == 1) {
                 fail(3, place);
-                return;
             }
             n.slot = 1;
             n.add(omitted());
-            next();
-            expect(COLON);
             types[top - 1] = CASE_VALUE;
+            state = WANT_COLON;
         }
 
         private void shut(Node n) {
             pop();
             left = n;
-            next();
         }
 
         /** Goes on to another part of what is open. */
@@ -2376,10 +2502,9 @@ public final class GoalHouse {
             n.add(left);
             types[top - 1] = type;
             left = null;
-            next();
         }
 
-        /** Goes on behind an operand; whether the word is none of the expression's. */
+        /** Goes on behind an operand. */
         private boolean behind() {
             if (!semi && kind == SIGN) {
                 if (id == LPAR || id == LBRACKET) {
@@ -2387,38 +2512,25 @@ public final class GoalHouse {
                     n.add(left);
                     left = null;
                     push(id == LPAR ? ARGUMENTS : PLACE, n);
-                    if (fault == 0) {
-                        next();
-                    }
-                    return false;
+                    return true;
                 }
                 if (id == DOT) {
-                    field();
-                    return false;
+                    Node n = node(Node.FIELD, 0);
+                    n.add(left);
+                    left = n;
+                    state = WANT_FIELD;
+                    return true;
                 }
                 if (id < RANKS.length && RANKS[id] > 0) {
                     infix(RANKS[id], id);
-                    return false;
+                    return true;
                 }
             }
             if (isWord(TO)) {
                 infix(4, TO_SIGN);
-                return false;
+                return true;
             }
-            return isWord(BY) ? by() : close();
-        }
-
-        private void field() {
-            Node n = node(Node.FIELD, 0);
-            n.add(left);
-            if (fault == 0) {
-                next();
-            }
-            if (atName()) {
-                n.name = name;
-                left = n;
-                next();
-            }
+            return isWord(BY) && by() || close();
         }
 
         private void infix(int rank, int op) {
@@ -2427,9 +2539,6 @@ public final class GoalHouse {
             n.add(left);
             left = null;
             push(rank, n);
-            if (fault == 0) {
-                next();
-            }
         }
 
         /** by goes with a to that may stand around expressions which end in front of it. */
@@ -2439,18 +2548,17 @@ public final class GoalHouse {
                 Node n = top > 0 ? nodes[top - 1] : null;
                 if (n != null && types[top - 1] == 4 && n.op == TO_SIGN && n.kids == 1) {
                     turn(4, n);
-                    return false;
+                    return true;
                 }
                 reduce(1);
                 if (top == 0 || !mayEnd(types[top - 1])) {
-                    break;
+                    return false;
                 }
                 n = nodes[top - 1];
                 n.add(left);
-                left = n;
-                pop();
+                shut(n);
             }
-            return close();
+            return false;
         }
 
         private static boolean mayEnd(int type) {
@@ -2467,24 +2575,25 @@ public final class GoalHouse {
             }
         }
 
-        /** The word goes on with something open, or ends it; true when nothing is open. */
+        /** The word goes on with something open, or ends it; if nothing is open it ends all. */
         private boolean close() {
             for (int g = 0; g < 1000 && fault == 0; g++) {
                 reduce(1);
                 if (top == 0) {
+                    endExpression();
+                    return false;
+                }
+                int type = types[top - 1];
+                Node n = nodes[top - 1];
+                if (type < IF_CONDITION || type == CASE_KEY || type == CASE_VALUE) {
+                    goOn(type, n);
                     return true;
                 }
-                Node n = nodes[top - 1];
-                if (types[top - 1] < IF_CONDITION || types[top - 1] == CASE_KEY || types[top - 1] == CASE_VALUE) {
-                    goOn(types[top - 1], n);
-                    return false;
-                }
-                if (goOnWord(types[top - 1], n)) {
-                    return false;
+                if (goOnWord(type, n)) {
+                    return true;
                 }
                 n.add(left);
-                left = n;
-                pop();
+                shut(n);
             }
             return false;
         }
@@ -2494,7 +2603,6 @@ public final class GoalHouse {
             boolean mid = type == PLACE && !semi && kind == SIGN && id >= COLON && id <= MINUSCOLON;
             if (type == PAREN && isSign(RPAR)) {
                 pop();
-                next();
             } else if (list && isSign(COMMA)) {
                 turn(type, n);
             } else if (type == ARGUMENTS && isSign(RPAR) || isSign(RBRACKET) && (type == ELEMENTS || type == PLACE || type == PLACES)) {
@@ -2529,7 +2637,12 @@ public final class GoalHouse {
                 return true;
             }
             if (type == CASE_OF) {
-                caseOf(n);
+                if (isWord(OF)) {
+                    turn(CASE_KEY, n);
+                    state = WANT_BRACE;
+                } else {
+                    fail(2, place);
+                }
                 return true;
             }
             if (type == IF_THEN && isWord(ELSE)) {
@@ -2546,18 +2659,6 @@ public final class GoalHouse {
                 return true;
             }
             return false;
-        }
-
-        private void caseOf(Node n) {
-            if (!isWord(OF)) {
-                fail(2, place);
-                return;
-            }
-            turn(CASE_KEY, n);
-            if (fault == 0 && isSign(LBRACE)) {
-                countOpen();
-            }
-            expect(LBRACE);
         }
     }
 
@@ -2578,7 +2679,6 @@ public final class GoalHouse {
 
         final Val nul = new Val(Val.NULL);
         final Val empty = Val.text(new byte[0], 0, 0);
-        final Val blank;
         final Val[] singles = new Val[256];
         final Val[] sets = new Val[8];
         final Proc[] library = new Proc[BUILT_INS];
@@ -2594,6 +2694,8 @@ public final class GoalHouse {
         Val[] vals = new Val[32];
         int argCount;
         final Thing bag = Thing.make(Val.GROUP);
+        /** What is called. */
+        Val called;
         int cells;
         int steps;
         /** The number and the wrong value of the latest act that could not be done. */
@@ -2606,7 +2708,6 @@ public final class GoalHouse {
                 bytes[i] = (byte) i;
                 singles[i] = Val.text(bytes, i, 1);
             }
-            blank = singles[32];
             for (int i = 0; i < work.length; i++) {
                 work[i] = Val.text(new byte[520], 0, 0);
             }
@@ -2622,6 +2723,7 @@ public final class GoalHouse {
             sets[CLOSING] = range(')', ')', ')', ')');
             sets[BLANK] = range(32, 32, 32, 32);
             breakValue = nul;
+            called = nul;
         }
 
         private static Val range(int a, int b, int c, int d) {
@@ -2674,7 +2776,13 @@ public final class GoalHouse {
         // ---- what an operand's value is looked at as; null: BREAKS
 
         Val whole(Val v) {
-            Val w = v == null ? null : asWhole(v);
+            Val w = null;
+            if (v != null && v.kind == Val.WHOLE) {
+                return v;
+            }
+            if (v != null && (v.kind == Val.TEXT || v.kind == Val.SET)) {
+                w = wholeIn(asText(v, 3));
+            }
             if (w == null) {
                 breaks(v == null ? 19 : 1, v == null ? nul : v);
             }
@@ -2690,11 +2798,39 @@ public final class GoalHouse {
         }
 
         Val set(Val v) {
-            Val s = v == null ? null : asSet(v);
-            if (s == null) {
+            if (v != null && v.kind == Val.SET) {
+                return v;
+            }
+            Val t = v == null ? null : asText(v, 3);
+            if (t == null) {
                 breaks(v == null ? 19 : 3, v == null ? nul : v);
+                return null;
+            }
+            Val s = emptySet();
+            for (int i = 0; i < t.len; i++) {
+                s.put(t.at(i));
             }
             return s;
+        }
+
+        /** Argument i of a built-in procedure, or other if it lacks or is NULL; null: it has no value any more. */
+        Val given(int i, Val other) {
+            Val v = i + 1 < argCount ? vals[i + 1] : nul;
+            return v != null && v.kind == Val.NULL ? other : v;
+        }
+
+        boolean lacks(int i) {
+            Val v = i + 1 < argCount ? vals[i + 1] : nul;
+            return v != null && v.kind == Val.NULL;
+        }
+
+        /** Any value as argument i; null: BREAKS. */
+        Val look(int i) {
+            Val v = given(i, nul);
+            if (v == null) {
+                breaks(19, nul);
+            }
+            return v;
         }
 
         Thing list(Val v) {
@@ -2734,7 +2870,9 @@ public final class GoalHouse {
                 return null;
             }
             if ((from[2] | from[3] | from[4] | from[5] | from[6]) == 0) {
-                return Val.whole(sign * ((long) from[1] * BASE + from[0]));
+                Val small = new Val(Val.WHOLE);
+                small.num = sign * ((long) from[1] * BASE + from[0]);
+                return small;
             }
             Val v = new Val(Val.WHOLE);
             v.num = sign;
@@ -2937,25 +3075,6 @@ public final class GoalHouse {
             return (int) q;
         }
 
-        /** a taken b times, b not below 0; null: more than 60 digits. */
-        Val power(Val a, Val b) {
-            if (b.num == 0) {
-                return Val.whole(1);
-            }
-            if (a.big == null && a.num >= -1 && a.num <= 1) {
-                boolean odd = ((b.big == null ? b.num : b.big[0]) & 1) != 0;
-                return Val.whole(a.num < 0 && !odd ? 1 : a.num);
-            }
-            if (b.big != null || b.num > 200) {
-                return null;
-            }
-            Val r = a;
-            for (int i = 1; i < b.num && r != null; i++) {
-                r = times(r, a);
-            }
-            return r;
-        }
-
         Val gcd(Val a, Val b) {
             load(a, x);
             load(b, y);
@@ -3005,16 +3124,11 @@ public final class GoalHouse {
             return n;
         }
 
-        /** A value as a whole; null: it is none. */
-        Val asWhole(Val v) {
-            if (v.kind == Val.WHOLE) {
-                return v;
-            }
-            Val t = v.kind == Val.TEXT || v.kind == Val.SET ? asText(v, 3) : null;
-            return t == null ? null : wholeIn(t);
-        }
-
+        /** The whole that a text is; null: it is none. */
         private Val wholeIn(Val t) {
+            if (t == null) {
+                return null;
+            }
             int i = 0;
             for (int g = 0; g < t.len && t.at(i) == ' ' && i < t.len; g++) {
                 i++;
@@ -3082,21 +3196,6 @@ public final class GoalHouse {
             return t;
         }
 
-        Val asSet(Val v) {
-            if (v.kind == Val.SET) {
-                return v;
-            }
-            Val t = asText(v, 3);
-            if (t == null) {
-                return null;
-            }
-            Val s = emptySet();
-            for (int i = 0; i < t.len; i++) {
-                s.put(t.at(i));
-            }
-            return s;
-        }
-
         static int compareTexts(Val a, Val b) {
             for (int i = 0; i < a.len && i < b.len; i++) {
                 if (a.at(i) != b.at(i)) {
@@ -3119,14 +3218,29 @@ public final class GoalHouse {
                 case Val.TEXT:
                     return compareTexts(a, b);
                 case Val.SET:
-                    Val s = asText(a, 2);
-                    Val t = asText(b, 3);
-                    return s == null || t == null ? 0 : compareTexts(s, t);
+                    return compareSets(a, b);
                 case Val.PROC:
                     return a.proc == null || b.proc == null ? 0 : compareNames(a.proc.name, b.proc.name);
                 default:
                     return a.thing == null || b.thing == null ? 0 : Integer.compare(a.thing.number, b.thing.number);
             }
+        }
+
+        /** As texts of rising bytes. */
+        private static int compareSets(Val a, Val b) {
+            int differs = 0;
+            for (int i = 0; i < 256; i++) {
+                boolean in = a.has(i);
+                boolean other = b.has(i);
+                if (differs != 0 && (differs < 0 ? other : in)) {
+                    // The one that has not the first byte in question goes on with a higher one.
+                    return differs;
+                }
+                if (differs == 0 && in != other) {
+                    differs = in ? -1 : 1;
+                }
+            }
+            return -differs;
         }
 
         private static int compareNames(String a, String b) {
@@ -3189,7 +3303,7 @@ public final class GoalHouse {
             return d < 10 ? '0' + d : 'a' + d - 10;
         }
 
-        /** Puts the IMAGE of a value into image. */
+        /** Puts the IMAGE of a value that is no whole, text or set into image. */
         void image(Val v) {
             imageSize = 0;
             if (v.kind == Val.NULL) {
@@ -3200,17 +3314,21 @@ public final class GoalHouse {
                     putName(p.kind == Proc.SOURCE ? "procedure " : p.kind == Proc.MAKER ? "record " : "built-in ");
                     putName(p.name);
                 }
-            } else if (v.kind >= Val.LIST) {
-                imageOfThing(v.thing);
             } else {
-                Val t = asText(v, 3);
-                if (t != null && v.kind == Val.WHOLE) {
-                    for (int i = 0; i < t.len; i++) {
-                        put(t.at(i));
-                    }
-                } else if (t != null) {
-                    quoted(t, v.kind == Val.TEXT ? '"' : 39);
+                imageOfThing(v.thing);
+            }
+        }
+
+        /** Puts a whole, text or set into image as it is WRITTEN. */
+        void literal(Val v) {
+            imageSize = 0;
+            Val t = asText(v, 3);
+            if (t != null && v.kind == Val.WHOLE) {
+                for (int i = 0; i < t.len; i++) {
+                    put(t.at(i));
                 }
+            } else if (t != null) {
+                quoted(t, v.kind == Val.TEXT ? '"' : 39);
             }
         }
 
@@ -3239,16 +3357,6 @@ public final class GoalHouse {
                 default:
                     return t.maker == null ? "record" : t.maker.name;
             }
-        }
-
-        /** The word that a literal is WRITTEN as. */
-        String imageText(Val v) {
-            image(v);
-            char[] c = new char[imageSize];
-            for (int i = 0; i < imageSize; i++) {
-                c[i] = (char) (image[i] & 255);
-            }
-            return new String(c);
         }
     }
 
@@ -3285,8 +3393,35 @@ public final class GoalHouse {
         private static final int RESUME = 2;
         private static final int GIVES = 3;
         private static final int FAILS = 4;
-        private static final int ACT = 5;
-        private static final int ENTER = 6;
+        private static final int LOOKS = 5;
+        private static final int LEAVES = 6;
+        private static final int JUMPS = 7;
+        private static final int ENTER = 8;
+        // The acts, and what they come to first.
+        private static final int ACT = 10;
+        static final int PREFIX = 11;
+        static final int SPECIAL = 12;
+        static final int PLAIN_ACT = 13;
+        static final int AUGMENTED = 14;
+        static final int ASSIGNING = 15;
+        static final int SWAPPING = 16;
+        static final int ELEMENT = 17;
+        static final int BETWEEN = 18;
+        static final int BUILDING = 19;
+        static final int APPLYING = 20;
+        static final int CALLING = 21;
+        static final int CALL_WHOLE = 22;
+        static final int CALL_SOURCE = 23;
+        static final int CALL_MAKER = 24;
+        static final int CALL_SCAN = 25;
+        static final int CALL_WRITE = 26;
+        static final int CALL_CONVERT = 27;
+        static final int CALL_THINGS = 28;
+        static final int CALL_SORT = 29;
+        static final int CALL_TEXTS = 30;
+        static final int CALL_NUMBERS = 31;
+        static final int MORE = 32;
+        static final int PUT_BACK = 33;
 
         // What is counted of a node.
         private static final int BEGUN = 0;
@@ -3420,12 +3555,16 @@ public final class GoalHouse {
             cur = f;
         }
 
-        /** The run has ENDED; what it is in is left. */
-        void finish() {
+        /** The run has ENDED. */
+        private void finish() {
             told[STATE] = 0;
             mode = IDLE;
             cur = null;
+        }
+
+        void stop() {
             leaveParts();
+            finish();
         }
 
         private void leaveParts() {
@@ -3462,9 +3601,9 @@ public final class GoalHouse {
             told[GOAL] = GOAL_NEW;
         }
 
-        int nextResult(int n) {
-            if (goalFrame == null || goalFrame.inner == null) {
-                return NO;
+        void toNextResult() {
+            if (goalFrame == null) {
+                return;
             }
             if (told[GOAL] != GOAL_CUT) {
                 mode = told[GOAL] == GOAL_NEW ? BEGIN : RESUME;
@@ -3472,8 +3611,6 @@ public final class GoalHouse {
             }
             told[GOAL] = GOAL_CUT;
             told[OUTCOME] = 3;
-            go(n);
-            return told[OUTCOME];
         }
 
         private void goalEnds(int outcome) {
@@ -3582,23 +3719,19 @@ public final class GoalHouse {
             return t;
         }
 
-        boolean canMake(int bytes) {
-            if (bytes > LONGEST || told[MADE] + bytes > MOST_MADE) {
-                kit.breaks(13, kit.nul);
-                return false;
-            }
-            return true;
-        }
-
         /** A text of so many bytes, which are put then; null: BREAKS. */
         Val make(int bytes) {
-            if (bytes < 0 || !canMake(bytes)) {
+            if (bytes < 0 || bytes > LONGEST || told[MADE] + bytes > MOST_MADE) {
+                kit.breaks(13, kit.nul);
                 return null;
             }
             if (made == null) {
                 made = new byte[MOST_MADE];
             }
-            Val t = Val.text(made, told[MADE], bytes);
+            Val t = new Val(Val.TEXT);
+            t.bytes = made;
+            t.off = told[MADE];
+            t.len = bytes;
             told[MADE] += bytes;
             return t;
         }
@@ -3628,38 +3761,35 @@ public final class GoalHouse {
 
         /** The value of a result; null: BREAKS. */
         Val value(Val r) {
-            switch (r.kind) {
+            Val c = r.kind == Val.SECTION ? r.in : r;
+            Val v = c;
+            switch (c.kind) {
                 case Val.CELL:
-                    return r.in;
+                    v = c.in;
+                    break;
                 case Val.COMING:
-                    return held(r);
-                case Val.SECTION:
-                    Val t = held(r.in);
-                    if (t.kind != Val.TEXT || t.len < r.off + r.len) {
-                        kit.breaks(19, kit.nul);
-                        return null;
-                    }
-                    return Val.text(t.bytes, t.off + r.off, r.len);
+                    int k = c.thing.find(c.in);
+                    v = k < 0 ? c.thing.other : c.thing.items[k].in;
+                    break;
                 case Val.SUBJECT:
-                    return r.scan.subject;
+                    return c.scan.subject;
                 case Val.POS:
-                    return Val.whole(r.scan.pos);
+                    return Val.whole(c.scan.pos);
                 case Val.RANDOM:
                     return Val.whole(told[RANDOM]);
                 case Val.ERROR:
                     return Val.whole(told[ERROR]);
                 default:
-                    return r;
+                    break;
             }
-        }
-
-        /** What a cell with a value of its own has. */
-        private static Val held(Val c) {
-            if (c.kind == Val.COMING) {
-                int k = c.thing.find(c.in);
-                return k < 0 ? c.thing.other : c.thing.items[k].in;
+            if (r.kind != Val.SECTION) {
+                return v;
             }
-            return c.in;
+            if (v.kind != Val.TEXT || v.len < r.off + r.len) {
+                kit.breaks(19, kit.nul);
+                return null;
+            }
+            return Val.text(v.bytes, v.off + r.off, r.len);
         }
 
         // ---- assigning
@@ -3672,7 +3802,18 @@ public final class GoalHouse {
                 case Val.COMING:
                     return assignComing(c, v);
                 case Val.SECTION:
-                    return assignSection(c, v);
+                    Val old = value(c.in);
+                    int before = told[MADE];
+                    Val all = old == null ? null : replaced(c, kit.text(v, 0), old);
+                    if (all == null || c.in.kind == Val.COMING && assignComing(c.in, all) != GAVE) {
+                        told[MADE] = before;
+                        return BROKE;
+                    }
+                    if (c.in.kind == Val.CELL) {
+                        c.in.in = all;
+                    }
+                    c.len += all.len - old.len;
+                    return GAVE;
                 case Val.SUBJECT:
                     Val t = kit.text(v, 0);
                     Val m = t == null ? null : madeOf(v, t);
@@ -3683,9 +3824,9 @@ public final class GoalHouse {
                     c.scan.pos = 1;
                     return GAVE;
                 case Val.POS:
-                    return assignPos(c.scan, v);
+                    return assignPos(c.scan, kit.whole(v));
                 default:
-                    return assignNumber(c.kind == Val.RANDOM ? RANDOM : ERROR, v);
+                    return assignNumber(c.kind == Val.RANDOM ? RANDOM : ERROR, kit.whole(v));
             }
         }
 
@@ -3699,39 +3840,30 @@ public final class GoalHouse {
                 return BROKE;
             }
             take(1);
+            c.thing.makeRoom();
             c.thing.add(c.in, Val.cell(v));
             return GAVE;
         }
 
-        private int assignSection(Val c, Val v) {
-            Val t = kit.text(v, 0);
+        /** The text old with a section's bytes replaced; null: BREAKS. */
+        private Val replaced(Val c, Val t, Val old) {
             if (t == null) {
-                return BROKE;
+                return null;
             }
-            Val old = held(c.in);
             if (old.kind != Val.TEXT || old.len < c.off + c.len) {
-                return kit.breaks(19, kit.nul);
+                kit.breaks(19, kit.nul);
+                return null;
             }
-            int before = told[MADE];
             Val all = make(old.len - c.len + t.len);
-            if (all == null) {
-                return BROKE;
+            if (all != null) {
+                copy(old, 0, all, 0, c.off);
+                copy(t, 0, all, c.off, t.len);
+                copy(old, c.off + c.len, all, c.off + t.len, old.len - c.off - c.len);
             }
-            copy(old, 0, all, 0, c.off);
-            copy(t, 0, all, c.off, t.len);
-            copy(old, c.off + c.len, all, c.off + t.len, old.len - c.off - c.len);
-            if (c.in.kind == Val.CELL) {
-                c.in.in = all;
-            } else if (assignComing(c.in, all) != GAVE) {
-                told[MADE] = before;
-                return BROKE;
-            }
-            c.len = t.len;
-            return GAVE;
+            return all;
         }
 
-        private int assignPos(Scan s, Val v) {
-            Val w = kit.whole(v);
+        private int assignPos(Scan s, Val w) {
             if (w == null) {
                 return BROKE;
             }
@@ -3743,8 +3875,7 @@ public final class GoalHouse {
             return GAVE;
         }
 
-        private int assignNumber(int which, Val v) {
-            Val w = kit.whole(v);
+        private int assignNumber(int which, Val w) {
             if (w == null) {
                 return BROKE;
             }
@@ -3770,37 +3901,121 @@ public final class GoalHouse {
             int left = n;
             for (int g = 0; g < LOOPS && mode != IDLE && cur != null; g++) {
                 Frame f = cur;
-                if (mode == BEGIN || mode == RESUME) {
-                    if (left == 0) {
+                if (mode < ACT) {
+                    left -= mode == BEGIN || mode == RESUME ? 1 : 0;
+                    if (left < 0) {
                         return;
                     }
-                    left--;
+                    control(f);
+                } else if (mode == ASSIGNING) {
+                    settle(f, Acts.assigning(this, f));
+                } else if (mode == SWAPPING) {
+                    settle(f, Acts.swap(this, f));
+                } else if (mode == CALL_SCAN) {
+                    settle(f, Acts.scan(this, f));
+                } else if (mode == PUT_BACK) {
+                    settle(f, Acts.putBack(this, f));
+                } else if (mode >= CALLING) {
+                    settle(f, performCall(f));
+                } else {
+                    settle(f, perform(f));
+                }
+            }
+        }
+
+        private int perform(Frame f) {
+            switch (mode) {
+                case ACT:
+                    return Acts.gather(this, f);
+                case PREFIX:
+                    return Acts.prefix(this, f);
+                case SPECIAL:
+                    return Acts.special(this, f);
+                case PLAIN_ACT:
+                    return Acts.plain(this, f);
+                case AUGMENTED:
+                    return Acts.augmented(kit, f, Acts.plain(this, f));
+                case ELEMENT:
+                    return Acts.element(this, f);
+                case BETWEEN:
+                    return Acts.between(this, f);
+                case APPLYING:
+                    return Acts.applied(this, f);
+                default:
+                    return Acts.building(this, f);
+            }
+        }
+
+        private int performCall(Frame f) {
+            switch (mode) {
+                case CALLING:
+                    return Acts.calling(this, f);
+                case CALL_WHOLE:
+                    return Acts.chosen(kit, f);
+                case CALL_SOURCE:
+                    return Acts.callSource(this, f);
+                case CALL_MAKER:
+                    return Acts.makeRecord(this, f);
+                case CALL_WRITE:
+                    return Acts.write(this, f);
+                case CALL_CONVERT:
+                    return Acts.convert(this, f);
+                case CALL_THINGS:
+                    return Acts.things(this, f);
+                case CALL_SORT:
+                    return Acts.sort(this, f);
+                case CALL_TEXTS:
+                    return Acts.texts(this, f);
+                case CALL_NUMBERS:
+                    return Acts.numbers(this, f);
+                default:
+                    return Acts.more(this, f);
+            }
+        }
+
+        private void control(Frame f) {
+            switch (mode) {
+                case BEGIN:
+                case RESUME:
                     kit.steps++;
                     told[DONE_STEPS]++;
-                }
-                switch (mode) {
-                    case BEGIN:
-                        count(f, BEGUN);
+                    count(f, mode == BEGIN ? BEGUN : RESUMED);
+                    if (mode == BEGIN) {
                         begin(f);
-                        break;
-                    case RESUME:
-                        count(f, RESUMED);
+                    } else {
                         resume(f);
-                        break;
-                    case GIVES:
-                        count(f, GIVEN);
-                        gave(f, f.up);
-                        break;
-                    case FAILS:
-                        count(f, FAILURES);
-                        failed(f, f.up);
-                        break;
-                    case ACT:
-                        settle(f, Acts.act(this, f));
-                        break;
-                    default:
-                        enter(f, f.call);
-                }
+                    }
+                    break;
+                case GIVES:
+                    count(f, GIVEN);
+                    gave(f, f.up);
+                    break;
+                case FAILS:
+                    count(f, FAILURES);
+                    failed(f, f.up);
+                    break;
+                case LOOKS:
+                    gaveValue(f, f.up);
+                    break;
+                case LEAVES:
+                    leave(f);
+                    break;
+                case JUMPS:
+                    jump(f, f.node);
+                    break;
+                default:
+                    enter(f, f.call);
+            }
+        }
+
+        /** return, suspend without an expression, and fail. */
+        private void leave(Frame f) {
+            if (f.node.op == RETURN) {
+                doReturn(f.call, kit.nul);
+            } else if (f.node.op == SUSPEND) {
+                doSuspend(f, kit.nul);
+            } else {
+                callFails(f.call);
             }
         }
 
@@ -3822,11 +4037,8 @@ public final class GoalHouse {
         private void noMore(Frame f) {
             f.inner = null;
             f.state = Frame.OPERANDS;
-            if (f.last == null) {
-                next(FAILS, f);
-            } else {
-                again(f.last);
-            }
+            mode = f.last == null ? FAILS : RESUME;
+            cur = f.last == null ? f : f.last;
         }
 
         private void settle(Frame f, int code) {
@@ -3834,6 +4046,8 @@ public final class GoalHouse {
                 next(GIVES, f);
             } else if (code == FAILED) {
                 noMore(f);
+            } else if (code >= ACT) {
+                next(code, f);
             } else if (code == BROKE && allowed(f, f)) {
                 noMore(f);
             }
@@ -3997,24 +4211,24 @@ public final class GoalHouse {
                     break;
                 case RETURN:
                     if (n.kid == null) {
-                        doReturn(f.call, kit.nul);
+                        next(LEAVES, f);
                     } else {
                         inner(f, n.kid, Frame.CONDITION);
                     }
                     break;
                 case SUSPEND:
                     if (n.kid == null) {
-                        doSuspend(f, kit.nul);
+                        next(LEAVES, f);
                     } else {
                         f.state = Frame.CONDITION;
                         operand(f, n.kid);
                     }
                     break;
                 case FAIL:
-                    callFails(f.call);
+                    next(LEAVES, f);
                     break;
                 default:
-                    jump(f, n);
+                    next(JUMPS, f);
             }
         }
 
@@ -4080,7 +4294,7 @@ public final class GoalHouse {
                     goOnCall(f, f.inner);
                     break;
                 case Frame.MORE:
-                    settle(f, Acts.more(this, f));
+                    next(f.more == Acts.PUT_BACK || f.more == Acts.PUT_BOTH_BACK ? PUT_BACK : MORE, f);
                     break;
                 default:
                     noMore(f);
@@ -4105,9 +4319,6 @@ public final class GoalHouse {
                 case Frame.SEQUENCE:
                     inSequence(p, c.node.next);
                     break;
-                case Frame.SCANNING:
-                    gaveValue(c, p, p);
-                    break;
                 case Frame.LIMIT:
                     p.i--;
                     give(p, c.res);
@@ -4126,9 +4337,10 @@ public final class GoalHouse {
                 case Frame.BODY:
                     bodyDone(p);
                     break;
+                case Frame.SCANNING:
                 case Frame.PART:
                 case Frame.GOAL:
-                    gaveValue(c, p, c);
+                    next(LOOKS, c);
                     break;
                 default:
                     Node n = p.node;
@@ -4194,10 +4406,14 @@ public final class GoalHouse {
         }
 
         /** A scanning, case, return, suspend, part or goal looks at what c gave. */
-        private void gaveValue(Frame c, Frame p, Frame at) {
+        private void gaveValue(Frame c, Frame p) {
+            if (p == null || c.res == null) {
+                next(IDLE, c);
+                return;
+            }
             Val v = value(c.res);
             if (v == null) {
-                if (allowed(at, c)) {
+                if (allowed(p.node == null ? c : p, c)) {
                     again(c);
                 }
             } else if (p.state == Frame.SCANNING) {
@@ -4235,7 +4451,7 @@ public final class GoalHouse {
                     }
                     break;
                 default:
-                    gaveValue(c, p, p);
+                    next(LOOKS, c);
             }
         }
 
@@ -4324,7 +4540,7 @@ public final class GoalHouse {
             int k = p.index;
             if (p.first != null && k >= 0 && k < initiated.length && !initiated[k]) {
                 initiated[k] = true;
-                statement(f, p.first, c, Frame.INIT);
+                inner(f, p.first, Frame.INIT).call = c;
             } else {
                 begunBody(f, c);
             }
@@ -4334,12 +4550,8 @@ public final class GoalHouse {
             if (c.proc.body == null || c.proc.body.kid == null) {
                 callFails(c);
             } else {
-                statement(f, c.proc.body.kid, c, Frame.CALL);
+                inner(f, c.proc.body.kid, Frame.CALL).call = c;
             }
-        }
-
-        private void statement(Frame f, Node n, Call c, int state) {
-            inner(f, n, state).call = c;
         }
 
         private void nextStatement(Frame c, Frame p) {
@@ -4348,7 +4560,7 @@ public final class GoalHouse {
             } else if (c.node.next == null) {
                 callFails(c.call);
             } else {
-                statement(p, c.node.next, c.call, Frame.CALL);
+                inner(p, c.node.next, Frame.CALL).call = c.call;
             }
         }
 
@@ -4464,8 +4676,8 @@ public final class GoalHouse {
         // What gives more results.
         private static final int COUNT_UP = 1;
         private static final int EACH = 2;
-        private static final int PUT_BACK = 3;
-        private static final int PUT_BOTH_BACK = 4;
+        static final int PUT_BACK = 3;
+        static final int PUT_BOTH_BACK = 4;
         private static final int POS_BACK = 5;
         private static final int UP_TO = 6;
         private static final int FIND = 7;
@@ -4526,7 +4738,7 @@ public final class GoalHouse {
         }
 
         /** Puts the results of f's operands, and their values, in their order into the work rows. */
-        static void gather(Run r, Frame f) {
+        static int gather(Run r, Frame f) {
             Kit kit = r.kit;
             boolean one = f.node.kind == Node.OP && (f.node.op == SCAN || f.node.op == BACKSLASH);
             int n = 0;
@@ -4557,19 +4769,43 @@ public final class GoalHouse {
                 kit.vals[i] = r.value(kit.args[i]);
                 k = k.next;
             }
+            f.state = Frame.ONE;
+            return wayOf(kit, f.node);
         }
 
-        static int act(Run r, Frame f) {
-            Node n = f.node;
-            f.state = Frame.ONE;
-            gather(r, f);
-            switch (n.kind) {
-                case Node.OP:
-                    return n.kids == 1 ? prefix(r, f) : infix(r, f);
-                case Node.CALL:
-                    return callOf(r, f, callee(r, r.kit.vals[0]));
-                case Node.SUB:
-                    return n.kids == 2 ? element(r, f) : between(r, f);
+        /** What the act comes to. */
+        private static int wayOf(Kit kit, Node n) {
+            if (n.kind == Node.CALL) {
+                return Run.CALLING;
+            }
+            if (n.kind == Node.SUB) {
+                return n.kids == 2 ? Run.ELEMENT : Run.BETWEEN;
+            }
+            if (n.kind != Node.OP) {
+                return Run.BUILDING;
+            }
+            if (n.kids == 1) {
+                return Run.PREFIX;
+            }
+            int op = n.op;
+            if (op == SCAN || op == BACKSLASH || op == TO_SIGN || op == AND) {
+                return Run.SPECIAL;
+            }
+            if (op == SWAP || op == SWAPBACK) {
+                return Run.SWAPPING;
+            }
+            if (op == ASSIGN || op == REVERSIBLE) {
+                return Run.ASSIGNING;
+            }
+            if (op >= FIRST_WITH_ASSIGN && op < TO_SIGN) {
+                return kit.args[0].isCell() ? Run.AUGMENTED : kit.breaks(4, kit.nul);
+            }
+            return op == BANG ? Run.APPLYING : Run.PLAIN_ACT;
+        }
+
+        /** The acts of fields, new lists and create. */
+        static int building(Run r, Frame f) {
+            switch (f.node.kind) {
                 case Node.FIELD:
                     return field(r, f, r.kit.vals[0]);
                 case Node.LIST:
@@ -4592,15 +4828,15 @@ public final class GoalHouse {
             return GAVE;
         }
 
-        private static int starts(Run r, Frame f, int more) {
+        private static int starts(Frame f, int more) {
             f.state = Frame.MORE;
             f.more = more;
-            return more(r, f);
+            return Run.MORE;
         }
 
         // ---- operators in front
 
-        private static int prefix(Run r, Frame f) {
+        static int prefix(Run r, Frame f) {
             Kit kit = r.kit;
             Val v = kit.vals[0];
             if (v == null) {
@@ -4667,7 +4903,7 @@ public final class GoalHouse {
             }
             f.a = v;
             f.i = 0;
-            return starts(r, f, EACH);
+            return starts(f, EACH);
         }
 
         private static int nextOf(Run r, Frame f, Val v) {
@@ -4750,29 +4986,18 @@ public final class GoalHouse {
 
         // ---- operators between
 
-        private static int infix(Run r, Frame f) {
+        static int special(Run r, Frame f) {
             Kit kit = r.kit;
-            int op = f.node.op;
-            Val a = kit.vals[0];
-            if (op == SCAN) {
-                return scanning(r, f, a);
+            switch (f.node.op) {
+                case SCAN:
+                    return scanning(r, f, kit.vals[0]);
+                case BACKSLASH:
+                    return limit(r, f, kit.whole(kit.vals[0]));
+                case TO_SIGN:
+                    return countUp(r, f);
+                default:
+                    return gives(f, kit.args[1]);
             }
-            if (op == BACKSLASH) {
-                return limit(r, f, kit.whole(a));
-            }
-            if (kit.argCount < 2) {
-                return FAILED;
-            }
-            if (op == TO_SIGN) {
-                return countUp(r, f);
-            }
-            if (op == AND) {
-                return gives(f, kit.args[1]);
-            }
-            if (op >= ASSIGN && op <= SWAPBACK || op >= FIRST_WITH_ASSIGN) {
-                return assigning(r, f);
-            }
-            return op == BANG ? applied(r, f) : plain(r, f, op);
         }
 
         private static int scanning(Run r, Frame f, Val v) {
@@ -4829,16 +5054,27 @@ public final class GoalHouse {
             return Kit.signOf(c) > 0 ? k > 0 : k < 0;
         }
 
+        /** What op made is to be assigned then. */
+        static int augmented(Kit kit, Frame f, int code) {
+            if (code != GAVE) {
+                return code;
+            }
+            kit.vals[1] = f.res;
+            return Run.ASSIGNING;
+        }
+
         /** The operators that make a value of two. */
-        private static int plain(Run r, Frame f, int op) {
+        static int plain(Run r, Frame f) {
             Kit kit = r.kit;
             Val a = kit.vals[0];
             Val b = kit.vals[1];
+            int k = f.node.op - FIRST_WITH_ASSIGN;
+            int op = k >= 0 && k < PLAIN.length ? PLAIN[k] : f.node.op;
             if (op >= LESS && op < TEXTLESS) {
-                return compareWholes(r, f, op - LESS, kit.whole(a), b);
+                return compareWholes(kit, f, op - LESS);
             }
             if (op >= TEXTLESS && op < ALIKE) {
-                return compareTexts(r, f, op - TEXTLESS, kit.text(a, 0), b);
+                return compareTexts(r, f, op - TEXTLESS);
             }
             switch (op) {
                 case ALIKE:
@@ -4855,9 +5091,20 @@ public final class GoalHouse {
                 case UNION:
                 case WITHOUT:
                 case BOTH:
-                    return combine(r, f, op, a, b);
+                    if (a == null || b == null) {
+                        return kit.breaks(19, kit.nul);
+                    }
+                    if (a.kind == Val.GROUP && b.kind == Val.GROUP) {
+                        return combineGroups(r, f, op, a.thing, b.thing);
+                    }
+                    return combineSets(kit, f, op, kit.set(a), b);
                 default:
-                    return reckon(r, f, op, kit.whole(a), b);
+                    Val v = kit.whole(a);
+                    Val w = v == null ? null : kit.whole(b);
+                    if (w == null) {
+                        return BROKE;
+                    }
+                    return op == POWER ? power(kit, f, v, w) : reckon(kit, f, op, v, w);
             }
         }
 
@@ -4879,21 +5126,24 @@ public final class GoalHouse {
             }
         }
 
-        private static int compareWholes(Run r, Frame f, int which, Val v, Val b) {
-            Val w = v == null ? null : r.kit.whole(b);
+        private static int compareWholes(Kit kit, Frame f, int which) {
+            Val v = kit.whole(kit.vals[0]);
+            Val w = v == null ? null : kit.whole(kit.vals[1]);
             if (w == null) {
                 return BROKE;
             }
             f.res = w;
-            return holds(which, r.kit.compare(v, w)) ? GAVE : FAILED;
+            return holds(which, kit.compare(v, w)) ? GAVE : FAILED;
         }
 
-        private static int compareTexts(Run r, Frame f, int which, Val s, Val b) {
-            Val t = s == null ? null : r.kit.text(b, 1);
+        private static int compareTexts(Run r, Frame f, int which) {
+            Kit kit = r.kit;
+            Val s = kit.text(kit.vals[0], 0);
+            Val t = s == null ? null : kit.text(kit.vals[1], 1);
             if (t == null) {
                 return BROKE;
             }
-            return holds(which, Kit.compareTexts(s, t)) ? gives(f, r.madeOf(b, t)) : FAILED;
+            return holds(which, Kit.compareTexts(s, t)) ? gives(f, r.madeOf(kit.vals[1], t)) : FAILED;
         }
 
         private static int join(Run r, Frame f, Val s, Val b) {
@@ -4907,22 +5157,12 @@ public final class GoalHouse {
             return gives(f, to);
         }
 
-        private static int reckon(Run r, Frame f, int op, Val v, Val b) {
-            Kit kit = r.kit;
-            Val w = v == null ? null : kit.whole(b);
-            if (w == null) {
-                return BROKE;
-            }
+        private static int reckon(Kit kit, Frame f, int op, Val v, Val w) {
             Val to;
             if (op == PLUS || op == MINUS) {
                 to = kit.add(v, w, op == PLUS ? 1 : -1);
             } else if (op == TIMES) {
                 to = kit.times(v, w);
-            } else if (op == POWER) {
-                if (Kit.signOf(w) < 0) {
-                    return FAILED;
-                }
-                to = kit.power(v, w);
             } else if (Kit.signOf(w) == 0) {
                 return kit.breaks(11, kit.nul);
             } else {
@@ -4931,16 +5171,28 @@ public final class GoalHouse {
             return to == null ? kit.breaks(12, kit.nul) : gives(f, to);
         }
 
-        private static int combine(Run r, Frame f, int op, Val v, Val w) {
-            Kit kit = r.kit;
-            if (v == null || w == null) {
-                return kit.breaks(19, kit.nul);
+        private static int power(Kit kit, Frame f, Val v, Val w) {
+            if (Kit.signOf(w) < 0) {
+                return FAILED;
             }
-            if (v.kind == Val.GROUP && w.kind == Val.GROUP) {
-                return combineGroups(r, f, op, v.thing, w.thing);
+            Val to = Val.whole(1);
+            if (v.big == null && v.num >= -1 && v.num <= 1) {
+                to = Kit.signOf(w) > 0 ? v : to;
+                if (v.num < 0 && ((w.big == null ? w.num : w.big[0]) & 1) == 0) {
+                    to = Val.whole(1);
+                }
+            } else if (w.big != null || w.num > 200) {
+                to = null;
+            } else {
+                for (int i = 0; i < w.num && to != null; i++) {
+                    to = kit.times(to, v);
+                }
             }
-            Val s = kit.set(v);
-            Val t = s == null ? null : kit.set(w);
+            return to == null ? kit.breaks(12, kit.nul) : gives(f, to);
+        }
+
+        private static int combineSets(Kit kit, Frame f, int op, Val s, Val b) {
+            Val t = s == null ? null : kit.set(b);
             if (t == null) {
                 return BROKE;
             }
@@ -4959,11 +5211,13 @@ public final class GoalHouse {
             for (int i = a.from(0); i >= 0; i = a.from(i + 1)) {
                 Val k = a.keys[i];
                 if (op == UNION || (b.find(k) >= 0) == (op == BOTH)) {
+                    bag.makeRoom();
                     bag.add(k, null);
                 }
             }
             for (int i = op == UNION ? b.from(0) : -1; i >= 0; i = b.from(i + 1)) {
                 if (bag.find(b.keys[i]) < 0) {
+                    bag.makeRoom();
                     bag.add(b.keys[i], null);
                 }
             }
@@ -4981,6 +5235,7 @@ public final class GoalHouse {
                 t.widen(bag.size);
             }
             for (int i = bag.from(0); i >= 0; i = bag.from(i + 1)) {
+                t.makeRoom();
                 t.add(bag.keys[i], null);
             }
             r.keep(t, t.size);
@@ -4989,31 +5244,20 @@ public final class GoalHouse {
 
         // ---- assigning
 
-        private static int assigning(Run r, Frame f) {
+        static int assigning(Run r, Frame f) {
             Kit kit = r.kit;
-            int op = f.node.op;
             Val a = kit.args[0];
+            Val v = kit.vals[1];
+            Val old = kit.vals[0];
+            boolean reversible = f.node.op == REVERSIBLE;
             if (!a.isCell()) {
                 return kit.breaks(4, kit.nul);
             }
-            if (op == SWAP || op == SWAPBACK) {
-                return swap(r, f, a, kit.args[1]);
-            }
-            Val v = kit.vals[1];
-            Val old = kit.vals[0];
-            if (op >= FIRST_WITH_ASSIGN) {
-                int k = op - FIRST_WITH_ASSIGN;
-                int code = k < PLAIN.length ? plain(r, f, PLAIN[k]) : FAILED;
-                if (code != GAVE) {
-                    return code;
-                }
-                v = f.res;
-            }
-            if (v == null || op == REVERSIBLE && old == null) {
+            if (v == null || reversible && old == null) {
                 return kit.breaks(19, kit.nul);
             }
             int code = r.assign(a, v);
-            if (code == GAVE && op == REVERSIBLE) {
+            if (code == GAVE && reversible) {
                 f.a = old;
                 f.state = Frame.MORE;
                 f.more = PUT_BACK;
@@ -5022,10 +5266,15 @@ public final class GoalHouse {
             return code;
         }
 
-        private static int swap(Run r, Frame f, Val a, Val b) {
+        static int swap(Run r, Frame f) {
             Kit kit = r.kit;
+            Val a = kit.args[0];
+            Val b = kit.args[1];
             Val v = kit.vals[0];
             Val w = kit.vals[1];
+            if (!a.isCell()) {
+                return kit.breaks(4, kit.nul);
+            }
             if (!b.isCell()) {
                 return kit.breaks(4, kit.nul);
             }
@@ -5048,7 +5297,7 @@ public final class GoalHouse {
 
         // ---- elements, sections, fields
 
-        private static int element(Run r, Frame f) {
+        static int element(Run r, Frame f) {
             Kit kit = r.kit;
             Val x = kit.vals[0];
             if (x == null || kit.argCount < 2) {
@@ -5106,7 +5355,7 @@ public final class GoalHouse {
             return gives(f, s);
         }
 
-        private static int between(Run r, Frame f) {
+        static int between(Run r, Frame f) {
             Kit kit = r.kit;
             Val x = kit.vals[0];
             if (x == null || kit.argCount < 3) {
@@ -5201,28 +5450,47 @@ public final class GoalHouse {
 
         // ---- calls
 
-        /** What can be called: a procedure or a whole; null: BREAKS. */
-        private static Val callee(Run r, Val v) {
+        /** What calls this comes to, if it can be called; what is called stands in the kit. */
+        private static int wayToCall(Run r, Val v) {
             Kit kit = r.kit;
             if (v == null) {
-                kit.breaks(19, kit.nul);
-                return null;
+                return kit.breaks(19, kit.nul);
             }
-            if (v.kind == Val.PROC || v.kind == Val.WHOLE) {
-                return v;
+            kit.called = v;
+            if (v.kind == Val.WHOLE) {
+                return Run.CALL_WHOLE;
             }
-            Proc p = v.kind == Val.TEXT ? r.program.procOf(v, kit) : null;
+            Proc p = v.kind == Val.TEXT ? r.program.procOf(v, kit) : v.proc;
             if (p == null) {
-                kit.breaks(6, v);
-                return null;
+                return kit.breaks(6, v);
             }
-            return p.val;
+            kit.called = p.val;
+            if (p.kind != Proc.LIBRARY) {
+                return p.kind == Proc.SOURCE ? Run.CALL_SOURCE : Run.CALL_MAKER;
+            }
+            if (p.index <= POS) {
+                return Run.CALL_SCAN;
+            }
+            if (p.index <= STOP) {
+                return Run.CALL_WRITE;
+            }
+            if (p.index <= NUMBER) {
+                return Run.CALL_CONVERT;
+            }
+            if (p.index <= SORT) {
+                return p.index == SORT ? Run.CALL_SORT : Run.CALL_THINGS;
+            }
+            return p.index <= ORD ? Run.CALL_TEXTS : Run.CALL_NUMBERS;
         }
 
-        private static int applied(Run r, Frame f) {
+        static int calling(Run r, Frame f) {
+            return wayToCall(r, r.kit.vals[0]);
+        }
+
+        static int applied(Run r, Frame f) {
             Kit kit = r.kit;
-            Val c = callee(r, kit.vals[0]);
-            if (c == null) {
+            int way = wayToCall(r, kit.vals[0]);
+            if (way == BROKE) {
                 return BROKE;
             }
             Val x = kit.vals[1];
@@ -5239,31 +5507,11 @@ public final class GoalHouse {
                     kit.arg(e, e.in);
                 }
             }
-            return callOf(r, f, c);
+            return way;
         }
 
-        private static int callOf(Run r, Frame f, Val c) {
-            if (c == null) {
-                return BROKE;
-            }
-            if (c.kind == Val.WHOLE) {
-                return chosen(r.kit, f, Kit.near(c));
-            }
-            Proc p = c.proc;
-            if (p == null) {
-                return FAILED;
-            }
-            switch (p.kind) {
-                case Proc.SOURCE:
-                    return callSource(r, f, p);
-                case Proc.MAKER:
-                    return makeRecord(r, f, p);
-                default:
-                    return library(r, f, p.index);
-            }
-        }
-
-        private static int chosen(Kit kit, Frame f, long place) {
+        static int chosen(Kit kit, Frame f) {
+            long place = Kit.near(kit.called);
             int n = kit.argCount - 1;
             long k = place < 0 ? n + 1 + place : place;
             if (k < 1 || k > n) {
@@ -5273,8 +5521,9 @@ public final class GoalHouse {
             return v == null ? kit.breaks(19, kit.nul) : gives(f, v);
         }
 
-        private static int callSource(Run r, Frame f, Proc p) {
+        static int callSource(Run r, Frame f) {
             Kit kit = r.kit;
+            Proc p = kit.called.proc;
             int count = kit.argCount - 1;
             int own = p.rest ? p.params - 1 : p.params;
             int more = p.rest ? Math.max(0, count - own) : 0;
@@ -5307,8 +5556,9 @@ public final class GoalHouse {
             return DONE;
         }
 
-        private static int makeRecord(Run r, Frame f, Proc p) {
+        static int makeRecord(Run r, Frame f) {
             Kit kit = r.kit;
+            Proc p = kit.called.proc;
             int n = p.names.size();
             int used = Math.min(n, kit.argCount - 1);
             if (kit.isStale(1, 1 + used)) {
@@ -5381,9 +5631,6 @@ public final class GoalHouse {
                     return n == null || beyond(r, n, f.a, f.b) ? FAILED : gives(f, n);
                 case EACH:
                     return nextOf(r, f, f.a);
-                case PUT_BACK:
-                case PUT_BOTH_BACK:
-                    return putBack(r, f);
                 case POS_BACK:
                     if (f.i <= f.scan.subject.len + 1) {
                         f.scan.pos = (int) f.i;
@@ -5408,7 +5655,7 @@ public final class GoalHouse {
         }
 
         /** What can't be put back stays. */
-        private static int putBack(Run r, Frame f) {
+        static int putBack(Run r, Frame f) {
             Val b = f.right();
             Val a = f.left();
             if (a == null || b == null) {
@@ -5455,79 +5702,40 @@ public final class GoalHouse {
             return FAILED;
         }
 
-        // ---- arguments of built-in procedures; null: BREAKS
-
-        private static Val given(Kit kit, int i) {
-            return i + 1 < kit.argCount ? kit.vals[i + 1] : kit.nul;
-        }
-
-        private static boolean lacks(Kit kit, int i) {
-            Val v = given(kit, i);
-            return v != null && v.kind == Val.NULL;
-        }
-
-        private static Val value(Kit kit, int i) {
-            Val v = given(kit, i);
-            if (v == null) {
-                kit.breaks(19, kit.nul);
-            }
-            return v;
-        }
-
-        private static Val whole(Kit kit, int i, Val other) {
-            return other != null && lacks(kit, i) ? other : kit.whole(given(kit, i));
-        }
-
-        private static Val text(Kit kit, int i, int place, Val other) {
-            return other != null && lacks(kit, i) ? other : kit.text(given(kit, i), place);
-        }
-
-        private static Val set(Kit kit, int i, Val other) {
-            return other != null && lacks(kit, i) ? other : kit.set(given(kit, i));
-        }
-
-        private static int library(Run r, Frame f, int id) {
-            if (id <= POS) {
-                return scan(r, f, id);
-            }
-            if (id <= STOP) {
-                return write(r, f, id);
-            }
-            if (id <= NUMBER) {
-                return convert(r, f, id);
-            }
-            if (id <= SORT) {
-                return things(r, f, id);
-            }
-            return id <= ORD ? texts(r, f, id) : numbers(r, f, id);
-        }
-
         // ---- texts that are scanned
 
-        private static int scan(Run r, Frame f, int id) {
+        static int scan(Run r, Frame f) {
             Kit kit = r.kit;
+            int id = kit.called.proc.index;
+            int code;
             switch (id) {
                 case ANY:
                 case MANY:
                 case UPTO:
-                    return scanFor(r, f, id, set(kit, 0, null));
+                    Val c = kit.set(kit.given(0, kit.nul));
+                    code = c == null ? BROKE : range(r, f, 1);
+                    return code == GAVE ? scanFor(kit, f, id, c) : code;
                 case MATCH:
                 case FIND_TEXT:
-                    return scanText(r, f, id, text(kit, 0, 1, null));
+                    Val t = kit.text(kit.given(0, kit.nul), 1);
+                    code = t == null ? BROKE : range(r, f, 1);
+                    return code == GAVE ? scanText(kit, f, id, t) : code;
                 case BAL:
-                    return balanced(r, f, set(kit, 0, kit.sets[Kit.ALL]));
+                    code = threeSets(kit, f) ? range(r, f, 3) : BROKE;
+                    f.a = code == GAVE ? kit.lasting(f.a) : f.a;
+                    return code == GAVE ? starts(f, BALANCED) : code;
                 default:
-                    return scanTo(f, id, whole(kit, 0, null));
+                    return scanTo(f, id, kit.whole(kit.given(0, kit.nul)));
             }
         }
 
         /** Puts s, i and j, which begin at argument k, into f: GAVE, FAILED or BROKE. */
         private static int range(Run r, Frame f, int k) {
             Kit kit = r.kit;
-            boolean own = lacks(kit, k);
-            Val s = text(kit, k, 0, f.scan.subject);
-            Val i = s == null ? null : whole(kit, k + 1, Val.whole(own ? f.scan.pos : 1));
-            Val j = i == null ? null : whole(kit, k + 2, Val.whole(0));
+            boolean own = kit.lacks(k);
+            Val s = kit.text(kit.given(k, f.scan.subject), 0);
+            Val i = s == null ? null : kit.whole(kit.given(k + 1, Val.whole(own ? f.scan.pos : 1)));
+            Val j = i == null ? null : kit.whole(kit.given(k + 2, Val.whole(0)));
             if (j == null) {
                 return BROKE;
             }
@@ -5539,15 +5747,11 @@ public final class GoalHouse {
             return f.i < 1 ? FAILED : GAVE;
         }
 
-        private static int scanFor(Run r, Frame f, int id, Val c) {
-            int code = c == null ? BROKE : range(r, f, 1);
-            if (code != GAVE) {
-                return code;
-            }
+        private static int scanFor(Kit kit, Frame f, int id, Val c) {
             if (id == UPTO) {
-                f.a = r.kit.lasting(f.a);
+                f.a = kit.lasting(f.a);
                 f.b = c;
-                return starts(r, f, UP_TO);
+                return starts(f, UP_TO);
             }
             long p = f.i;
             for (int g = 0; g < LOOPS && p < f.j && c.has(f.a.at((int) p - 1)) && (g == 0 || id == MANY); g++) {
@@ -5556,35 +5760,30 @@ public final class GoalHouse {
             return p > f.i ? givesWhole(f, p) : FAILED;
         }
 
-        private static int scanText(Run r, Frame f, int id, Val t) {
-            int code = t == null ? BROKE : range(r, f, 1);
-            if (code != GAVE) {
-                return code;
-            }
+        private static int scanText(Kit kit, Frame f, int id, Val t) {
             if (id == FIND_TEXT) {
-                f.a = r.kit.lasting(f.a);
-                f.b = r.kit.lasting(t);
-                return starts(r, f, FIND);
+                f.a = kit.lasting(f.a);
+                f.b = kit.lasting(t);
+                return starts(f, FIND);
             }
             return standsAt(f.a, (int) f.i - 1, t, (int) f.j - 1) ? givesWhole(f, f.i + t.len) : FAILED;
         }
 
-        private static int balanced(Run r, Frame f, Val c) {
-            Kit kit = r.kit;
-            Val o = c == null ? null : set(kit, 1, kit.sets[Kit.OPENING]);
-            Val q = o == null ? null : set(kit, 2, kit.sets[Kit.CLOSING]);
-            int code = q == null ? BROKE : range(r, f, 3);
-            if (code != GAVE) {
-                return code;
+        /** Puts the three sets of bal() into f, one behind the other. */
+        private static boolean threeSets(Kit kit, Frame f) {
+            Val c = kit.set(kit.given(0, kit.sets[Kit.ALL]));
+            Val o = c == null ? null : kit.set(kit.given(1, kit.sets[Kit.OPENING]));
+            Val q = o == null ? null : kit.set(kit.given(2, kit.sets[Kit.CLOSING]));
+            if (q == null) {
+                return false;
             }
-            f.a = kit.lasting(f.a);
             f.n = 0;
             f.b = new Val(Val.SET);
             f.b.bits = new long[12];
             System.arraycopy(c.bits, 0, f.b.bits, 0, 4);
             System.arraycopy(o.bits, 0, f.b.bits, 4, 4);
             System.arraycopy(q.bits, 0, f.b.bits, 8, 4);
-            return starts(r, f, BALANCED);
+            return true;
         }
 
         private static int scanTo(Frame f, int id, Val w) {
@@ -5605,8 +5804,9 @@ public final class GoalHouse {
 
         // ---- OUT and INPUT
 
-        private static int write(Run r, Frame f, int id) {
+        static int write(Run r, Frame f) {
             Kit kit = r.kit;
+            int id = kit.called.proc.index;
             int n = kit.argCount;
             long bytes = id == WRITES ? 0 : 1;
             for (int i = 1; i < n; i++) {
@@ -5636,7 +5836,7 @@ public final class GoalHouse {
             if (r.inGoal()) {
                 return FAILED;
             }
-            r.finish();
+            r.stop();
             return DONE;
         }
 
@@ -5668,36 +5868,41 @@ public final class GoalHouse {
 
         // ---- kinds
 
-        private static int convert(Run r, Frame f, int id) {
+        static int convert(Run r, Frame f) {
             Kit kit = r.kit;
+            int id = kit.called.proc.index;
             if (id == READ) {
                 return read(r, f);
             }
             if (id == PROC) {
-                Val name = text(kit, 0, 0, null);
+                Val name = kit.text(kit.given(0, kit.nul), 0);
                 Proc p = name == null ? null : r.program.procOf(name, kit);
                 return name == null ? BROKE : p == null ? FAILED : gives(f, p.val);
             }
-            Val v = value(kit, 0);
+            Val v = kit.given(0, kit.nul);
             if (v == null) {
-                return BROKE;
+                return kit.breaks(19, kit.nul);
             }
             switch (id) {
                 case IMAGE:
-                    kit.image(v);
+                    if (v.isLiteral()) {
+                        kit.literal(v);
+                    } else {
+                        kit.image(v);
+                    }
                     return gives(f, madeOfBytes(r, kit.image, kit.imageSize));
                 case TYPE:
                     return gives(f, typeOf(v));
                 case COPY:
                     return copy(r, f, v);
                 case WHOLE:
-                    Val w = kit.asWhole(v);
+                    Val w = kit.whole(v);
                     return w == null ? FAILED : gives(f, w);
                 case TEXT:
                     Val t = kit.asText(v, 0);
                     return t == null ? FAILED : gives(f, r.madeOf(v, t));
                 case SET:
-                    Val s = kit.asSet(v);
+                    Val s = kit.set(v);
                     return s == null ? FAILED : gives(f, s);
                 default:
                     return v.thing == null ? FAILED : givesWhole(f, v.thing.number);
@@ -5758,6 +5963,7 @@ public final class GoalHouse {
             } else if (n > 0) {
                 t.widen(n);
                 for (int i = from.from(0); i >= 0; i = from.from(i + 1)) {
+                    t.makeRoom();
                     t.add(from.keys[i], v.kind == Val.TABLE ? Val.cell(from.items[i].in) : null);
                 }
             }
@@ -5766,34 +5972,33 @@ public final class GoalHouse {
 
         // ---- lists, groups, tables
 
-        private static int things(Run r, Frame f, int id) {
+        static int things(Run r, Frame f) {
             Kit kit = r.kit;
+            int id = kit.called.proc.index;
             switch (id) {
                 case LIST:
-                    return listOf(r, f, whole(kit, 0, Val.whole(0)));
+                    return listOf(r, f, kit.whole(kit.given(0, Val.whole(0))));
                 case GROUP:
                     return groupOf(r, f);
                 case TABLE:
-                    return tableOf(r, f, value(kit, 0));
+                    return tableOf(r, f, kit.look(0));
                 case PUT:
                 case PUSH:
-                    return put(r, f, id, kit.list(given(kit, 0)));
+                    return put(r, f, id, kit.list(kit.given(0, kit.nul)));
                 case GET:
                 case PULL:
-                    return take(f, id, kit.list(given(kit, 0)));
+                    return take(f, id, kit.list(kit.given(0, kit.nul)));
                 case INSERT:
                 case DELETE:
                 case MEMBER:
-                    return keyed(r, f, id, given(kit, 0));
-                case KEY:
-                    return keys(r, f, given(kit, 0));
+                    return keyed(r, f, id, kit.given(0, kit.nul));
                 default:
-                    return sort(r, f, given(kit, 0));
+                    return keys(r, f, kit.given(0, kit.nul));
             }
         }
 
         private static int listOf(Run r, Frame f, Val w) {
-            Val x = w == null ? null : value(r.kit, 1);
+            Val x = w == null ? null : r.kit.look(1);
             if (x == null) {
                 return BROKE;
             }
@@ -5814,14 +6019,15 @@ public final class GoalHouse {
         private static int groupOf(Run r, Frame f) {
             Kit kit = r.kit;
             kit.bag.clear();
-            if (!lacks(kit, 0)) {
-                Thing l = kit.list(given(kit, 0));
+            if (!kit.lacks(0)) {
+                Thing l = kit.list(kit.given(0, kit.nul));
                 if (l == null) {
                     return BROKE;
                 }
                 for (int i = 1; i <= l.size; i++) {
                     Val c = l.cell(i);
                     if (c != null && kit.bag.find(c.in) < 0) {
+                        kit.bag.makeRoom();
                         kit.bag.add(c.in, null);
                     }
                 }
@@ -5849,7 +6055,7 @@ public final class GoalHouse {
             }
             r.take(n);
             for (int i = 1; i <= n; i++) {
-                Val c = Val.cell(given(kit, i));
+                Val c = Val.cell(kit.given(i, kit.nul));
                 if (id == PUT) {
                     l.addRight(c);
                 } else {
@@ -5875,8 +6081,8 @@ public final class GoalHouse {
             if (x.kind != Val.TABLE && x.kind != Val.GROUP) {
                 return kit.breaks(9, x);
             }
-            Val k = value(kit, 1);
-            Val v = k == null || id != INSERT ? k : value(kit, 2);
+            Val k = kit.look(1);
+            Val v = k == null || id != INSERT ? k : kit.look(2);
             if (v == null) {
                 return BROKE;
             }
@@ -5900,6 +6106,7 @@ public final class GoalHouse {
                 return BROKE;
             }
             r.take(1);
+            t.makeRoom();
             t.add(k, x.kind == Val.TABLE ? Val.cell(v) : null);
             return GAVE;
         }
@@ -5913,11 +6120,12 @@ public final class GoalHouse {
             }
             f.a = x;
             f.i = 0;
-            return starts(r, f, KEYS_OF);
+            return starts(f, KEYS_OF);
         }
 
-        private static int sort(Run r, Frame f, Val x) {
+        static int sort(Run r, Frame f) {
             Kit kit = r.kit;
+            Val x = kit.given(0, kit.nul);
             if (x == null) {
                 return kit.breaks(19, kit.nul);
             }
@@ -5984,25 +6192,27 @@ public final class GoalHouse {
 
         // ---- texts
 
-        private static int texts(Run r, Frame f, int id) {
+        static int texts(Run r, Frame f) {
             Kit kit = r.kit;
+            int id = kit.called.proc.index;
             switch (id) {
                 case LEFT:
                 case RIGHT:
                 case CENTER:
-                    return fit(r, f, id, text(kit, 0, 0, null));
+                    return fit(r, f, id, kit.text(kit.given(0, kit.nul), 0));
                 case TRIM:
-                    return trim(r, f, text(kit, 0, 0, null));
+                    return trim(r, f, kit.text(kit.given(0, kit.nul), 0));
                 case REPL:
-                    return repeat(r, f, text(kit, 0, 0, null));
+                    return repeat(r, f, kit.text(kit.given(0, kit.nul), 0));
                 case REVERSE:
-                    return reverse(r, f, given(kit, 0));
+                    Val x = kit.given(0, kit.nul);
+                    return x != null && x.kind == Val.LIST ? reverseList(r, f, x.thing) : reverse(r, f, x);
                 case MAP:
-                    return map(r, f, text(kit, 0, 0, null));
+                    return map(r, f, kit.text(kit.given(0, kit.nul), 0));
                 case CHAR:
-                    return character(r, f, whole(kit, 0, null));
+                    return character(r, f, kit.whole(kit.given(0, kit.nul)));
                 default:
-                    Val s = text(kit, 0, 0, null);
+                    Val s = kit.text(kit.given(0, kit.nul), 0);
                     if (s == null) {
                         return BROKE;
                     }
@@ -6012,8 +6222,8 @@ public final class GoalHouse {
 
         private static int fit(Run r, Frame f, int id, Val s) {
             Kit kit = r.kit;
-            Val w = s == null ? null : whole(kit, 1, Val.whole(1));
-            Val p = w == null ? null : text(kit, 2, 1, kit.blank);
+            Val w = s == null ? null : kit.whole(kit.given(1, Val.whole(1)));
+            Val p = w == null ? null : kit.text(kit.given(2, kit.singles[32]), 1);
             if (p == null) {
                 return BROKE;
             }
@@ -6025,7 +6235,7 @@ public final class GoalHouse {
             if (t == null) {
                 return BROKE;
             }
-            Val pad = p.len == 0 ? kit.blank : p;
+            Val pad = p.len == 0 ? kit.singles[32] : p;
             // Where the first byte of s would stand in the new text.
             int start = id == LEFT ? 0 : id == RIGHT ? n - s.len : s.len > n ? -((s.len - n) / 2) : (n - s.len) / 2;
             for (int i = 0; i < n; i++) {
@@ -6044,8 +6254,8 @@ public final class GoalHouse {
 
         private static int trim(Run r, Frame f, Val s) {
             Kit kit = r.kit;
-            Val c = s == null ? null : set(kit, 1, kit.sets[Kit.BLANK]);
-            Val m = c == null ? null : r.madeOf(given(kit, 0), s);
+            Val c = s == null ? null : kit.set(kit.given(1, kit.sets[Kit.BLANK]));
+            Val m = c == null ? null : r.madeOf(kit.given(0, kit.nul), s);
             if (m == null) {
                 return BROKE;
             }
@@ -6058,7 +6268,7 @@ public final class GoalHouse {
 
         private static int repeat(Run r, Frame f, Val s) {
             Kit kit = r.kit;
-            Val w = s == null ? null : whole(kit, 1, null);
+            Val w = s == null ? null : kit.whole(kit.given(1, kit.nul));
             if (w == null) {
                 return BROKE;
             }
@@ -6078,15 +6288,9 @@ public final class GoalHouse {
 
         private static int reverse(Run r, Frame f, Val x) {
             Kit kit = r.kit;
-            if (x == null) {
-                return kit.breaks(19, kit.nul);
-            }
-            if (x.kind == Val.LIST) {
-                return reverseList(r, f, x.thing);
-            }
-            Val s = kit.asText(x, 0);
+            Val s = kit.text(x, 0);
             if (s == null) {
-                return kit.breaks(2, x);
+                return BROKE;
             }
             Val t = r.make(s.len);
             for (int i = 0; t != null && i < s.len; i++) {
@@ -6109,8 +6313,8 @@ public final class GoalHouse {
 
         private static int map(Run r, Frame f, Val s) {
             Kit kit = r.kit;
-            Val from = s == null ? null : text(kit, 1, 1, kit.asText(kit.sets[Kit.UPPER], 1));
-            Val to = from == null ? null : text(kit, 2, 2, kit.asText(kit.sets[Kit.LOWER], 2));
+            Val from = s == null ? null : kit.text(kit.given(1, kit.asText(kit.sets[Kit.UPPER], 1)), 1);
+            Val to = from == null ? null : kit.text(kit.given(2, kit.asText(kit.sets[Kit.LOWER], 2)), 2);
             if (to == null) {
                 return BROKE;
             }
@@ -6147,15 +6351,16 @@ public final class GoalHouse {
 
         // ---- wholes
 
-        private static int numbers(Run r, Frame f, int id) {
+        static int numbers(Run r, Frame f) {
             Kit kit = r.kit;
-            Val a = whole(kit, 0, id == SEQ ? Val.whole(1) : null);
+            int id = kit.called.proc.index;
+            Val a = kit.whole(kit.given(0, id == SEQ ? Val.whole(1) : kit.nul));
             if (a == null) {
                 return BROKE;
             }
             switch (id) {
                 case SEQ:
-                    Val k = whole(kit, 1, Val.whole(1));
+                    Val k = kit.whole(kit.given(1, Val.whole(1)));
                     if (k == null) {
                         return BROKE;
                     }
@@ -6169,7 +6374,7 @@ public final class GoalHouse {
                 case MAX:
                     return extreme(kit, f, id == MIN ? -1 : 1, a);
                 case GCD:
-                    Val b = whole(kit, 1, null);
+                    Val b = kit.whole(kit.given(1, kit.nul));
                     return b == null ? BROKE : gives(f, kit.gcd(a, b));
                 default:
                     return givesWhole(f, kit.digitSum(a));
@@ -6179,7 +6384,7 @@ public final class GoalHouse {
         private static int extreme(Kit kit, Frame f, int way, Val first) {
             Val best = first;
             for (int i = 1; i < kit.argCount - 1; i++) {
-                Val w = kit.whole(given(kit, i));
+                Val w = kit.whole(kit.given(i, kit.nul));
                 if (w == null) {
                     return BROKE;
                 }
