@@ -3098,10 +3098,10 @@ public final class GoalHouse {
             return sum;
         }
 
-        /** Puts a whole's digits into a row; how many bytes these are. */
-        private int digits(Val v, byte[] to) {
+        /** Puts the digits of the whole in x into a row; how many bytes these are. */
+        private int digits(int sign, byte[] to) {
             int n = 0;
-            if (load(v, x) < 0) {
+            if (sign < 0) {
                 to[0] = '-';
                 n = 1;
             }
@@ -3172,7 +3172,7 @@ public final class GoalHouse {
             Val t = work[place];
             t.len = 0;
             if (v.kind == Val.WHOLE) {
-                t.len = digits(v, t.bytes);
+                t.len = digits(load(v, x), t.bytes);
             } else {
                 for (int i = 0; i < 256; i++) {
                     if (v.has(i)) {
@@ -4994,7 +4994,10 @@ public final class GoalHouse {
                 case BACKSLASH:
                     return limit(r, f, kit.whole(kit.vals[0]));
                 case TO_SIGN:
-                    return countUp(r, f);
+                    Val a = kit.whole(kit.vals[0]);
+                    Val b = a == null ? null : kit.whole(kit.vals[1]);
+                    Val c = b == null || kit.argCount < 3 ? Val.whole(1) : kit.whole(kit.vals[2]);
+                    return b == null || c == null ? BROKE : countUp(kit, f, a, b, c);
                 default:
                     return gives(f, kit.args[1]);
             }
@@ -5025,21 +5028,11 @@ public final class GoalHouse {
             return DONE;
         }
 
-        private static int countUp(Run r, Frame f) {
-            Kit kit = r.kit;
-            Val a = kit.whole(kit.vals[0]);
-            Val b = a == null ? null : kit.whole(kit.vals[1]);
-            if (b == null) {
-                return BROKE;
-            }
-            Val c = kit.argCount < 3 ? Val.whole(1) : kit.whole(kit.vals[2]);
-            if (c == null) {
-                return BROKE;
-            }
+        private static int countUp(Kit kit, Frame f, Val a, Val b, Val c) {
             if (Kit.signOf(c) == 0) {
                 return kit.breaks(11, kit.nul);
             }
-            if (beyond(r, a, b, c)) {
+            if (beyond(kit, a, b, c)) {
                 return FAILED;
             }
             f.a = b;
@@ -5049,8 +5042,8 @@ public final class GoalHouse {
             return gives(f, a);
         }
 
-        private static boolean beyond(Run r, Val a, Val b, Val c) {
-            int k = r.kit.compare(a, b);
+        private static boolean beyond(Kit kit, Val a, Val b, Val c) {
+            int k = kit.compare(a, b);
             return Kit.signOf(c) > 0 ? k > 0 : k < 0;
         }
 
@@ -5235,7 +5228,6 @@ public final class GoalHouse {
                 t.widen(bag.size);
             }
             for (int i = bag.from(0); i >= 0; i = bag.from(i + 1)) {
-                t.makeRoom();
                 t.add(bag.keys[i], null);
             }
             r.keep(t, t.size);
@@ -5628,7 +5620,7 @@ public final class GoalHouse {
             switch (f.more) {
                 case COUNT_UP:
                     Val n = r.kit.add(f.res, f.b, 1);
-                    return n == null || beyond(r, n, f.a, f.b) ? FAILED : gives(f, n);
+                    return n == null || beyond(r.kit, n, f.a, f.b) ? FAILED : gives(f, n);
                 case EACH:
                     return nextOf(r, f, f.a);
                 case POS_BACK:
