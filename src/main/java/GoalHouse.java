@@ -3399,7 +3399,7 @@ public final class GoalHouse {
         private static final int ENTER = 8;
         // The acts, and what they come to first.
         private static final int ACT = 10;
-        static final int PREFIX = 11;
+static final int PREFIX = 11;
         static final int SPECIAL = 12;
         static final int PLAIN_ACT = 13;
         static final int AUGMENTED = 14;
@@ -3420,8 +3420,9 @@ public final class GoalHouse {
         static final int CALL_SORT = 29;
         static final int CALL_TEXTS = 30;
         static final int CALL_NUMBERS = 31;
-        static final int MORE = 32;
-        static final int PUT_BACK = 33;
+        static final int CALL_EXTREME = 32;
+        static final int MORE = 33;
+        static final int PUT_BACK = 34;
 
         // What is counted of a node.
         private static final int BEGUN = 0;
@@ -3968,6 +3969,8 @@ public final class GoalHouse {
                     return Acts.texts(this, f);
                 case CALL_NUMBERS:
                     return Acts.numbers(this, f);
+                case CALL_EXTREME:
+                    return Acts.extreme(kit, f);
                 default:
                     return Acts.more(this, f);
             }
@@ -5201,15 +5204,15 @@ public final class GoalHouse {
         private static int combineGroups(Run r, Frame f, int op, Thing a, Thing b) {
             Thing bag = r.kit.bag;
             bag.clear();
-            for (int i = a.from(0); i >= 0; i = a.from(i + 1)) {
+            for (int i = 0; i < a.used; i++) {
                 Val k = a.keys[i];
-                if (op == UNION || (b.find(k) >= 0) == (op == BOTH)) {
+                if (k != null && (op == UNION || (b.find(k) >= 0) == (op == BOTH))) {
                     bag.makeRoom();
                     bag.add(k, null);
                 }
             }
-            for (int i = op == UNION ? b.from(0) : -1; i >= 0; i = b.from(i + 1)) {
-                if (bag.find(b.keys[i]) < 0) {
+            for (int i = 0; i < b.used && op == UNION; i++) {
+                if (b.keys[i] != null && bag.find(b.keys[i]) < 0) {
                     bag.makeRoom();
                     bag.add(b.keys[i], null);
                 }
@@ -5227,7 +5230,7 @@ public final class GoalHouse {
             if (bag.size > 0) {
                 t.widen(bag.size);
             }
-            for (int i = bag.from(0); i >= 0; i = bag.from(i + 1)) {
+            for (int i = 0; i < bag.used; i++) {
                 t.add(bag.keys[i], null);
             }
             r.keep(t, t.size);
@@ -5471,6 +5474,9 @@ public final class GoalHouse {
             }
             if (p.index <= SORT) {
                 return p.index == SORT ? Run.CALL_SORT : Run.CALL_THINGS;
+            }
+            if (p.index == MIN || p.index == MAX) {
+                return Run.CALL_EXTREME;
             }
             return p.index <= ORD ? Run.CALL_TEXTS : Run.CALL_NUMBERS;
         }
@@ -5954,9 +5960,10 @@ public final class GoalHouse {
                 addCells(t, from, 1, n);
             } else if (n > 0) {
                 t.widen(n);
-                for (int i = from.from(0); i >= 0; i = from.from(i + 1)) {
-                    t.makeRoom();
-                    t.add(from.keys[i], v.kind == Val.TABLE ? Val.cell(from.items[i].in) : null);
+                for (int i = 0; i < from.used; i++) {
+                    if (from.keys[i] != null) {
+                        t.add(from.keys[i], v.kind == Val.TABLE ? Val.cell(from.items[i].in) : null);
+                    }
                 }
             }
             return gives(f, r.keep(t, n).self);
@@ -6362,9 +6369,6 @@ public final class GoalHouse {
                     return gives(f, a);
                 case ABS:
                     return gives(f, Kit.signOf(a) < 0 ? kit.add(Val.whole(0), a, -1) : a);
-                case MIN:
-                case MAX:
-                    return extreme(kit, f, id == MIN ? -1 : 1, a);
                 case GCD:
                     Val b = kit.whole(kit.given(1, kit.nul));
                     return b == null ? BROKE : gives(f, kit.gcd(a, b));
@@ -6373,14 +6377,15 @@ public final class GoalHouse {
             }
         }
 
-        private static int extreme(Kit kit, Frame f, int way, Val first) {
-            Val best = first;
-            for (int i = 1; i < kit.argCount - 1; i++) {
+        static int extreme(Kit kit, Frame f) {
+            int way = kit.called.proc.index == MIN ? -1 : 1;
+            Val best = null;
+            for (int i = 0; i < Math.max(1, kit.argCount - 1); i++) {
                 Val w = kit.whole(kit.given(i, kit.nul));
                 if (w == null) {
                     return BROKE;
                 }
-                if (kit.compare(w, best) * way > 0) {
+                if (best == null || kit.compare(w, best) * way > 0) {
                     best = w;
                 }
             }
