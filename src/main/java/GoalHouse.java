@@ -2781,7 +2781,8 @@ public final class GoalHouse {
                 return v;
             }
             if (v != null && (v.kind == Val.TEXT || v.kind == Val.SET)) {
-                w = wholeIn(asText(v, 3));
+                int sign = wholeIn(asText(v, 3));
+                w = sign == 0 ? null : store(sign, x);
             }
             if (w == null) {
                 breaks(v == null ? 19 : 1, v == null ? nul : v);
@@ -3124,10 +3125,10 @@ public final class GoalHouse {
             return n;
         }
 
-        /** The whole that a text is; null: it is none. */
-        private Val wholeIn(Val t) {
+        /** Puts the size of the whole that a text is into x; its sign, 0: it is none. */
+        private int wholeIn(Val t) {
             if (t == null) {
-                return null;
+                return 0;
             }
             int i = 0;
             for (int g = 0; g < t.len && t.at(i) == ' ' && i < t.len; g++) {
@@ -3148,7 +3149,7 @@ public final class GoalHouse {
             for (int g = 0; g < t.len && i < t.len && t.at(i) == ' '; g++) {
                 i++;
             }
-            return n < 1 || n > 60 || i < t.len ? null : store(sign, x);
+            return n < 1 || n > 60 || i < t.len ? 0 : sign;
         }
 
         /** A whole for places and numbers of bytes. */
