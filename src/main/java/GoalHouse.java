@@ -741,19 +741,19 @@ public final class GoalHouse {
         int goal;
         int level;
 
-        private Thing(int kind) {
+        private Thing(int kind, Val self) {
             this.kind = kind;
-            self = new Val(kind);
+            this.self = self;
         }
 
         static Thing make(int kind) {
-            Thing t = new Thing(kind);
+            Thing t = new Thing(kind, new Val(kind));
             t.self.thing = t;
             return t;
         }
 
         static Thing row(int kind, int n) {
-            Thing t = new Thing(kind);
+            Thing t = new Thing(kind, new Val(kind));
             t.self.thing = t;
             t.items = new Val[Math.max(0, n)];
             return t;
