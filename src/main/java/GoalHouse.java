@@ -438,7 +438,7 @@ public final class GoalHouse {
         if (r == null || what < 0 || what > 2) {
             return BAD;
         }
-        Thing t = r.thing(k);
+        Thing t = r.thingAt(k);
         if (t == null) {
             return BAD;
         }
@@ -1697,7 +1697,7 @@ public final class GoalHouse {
             return !semi && kind == NONE;
         }
 
-        private void next() {
+        private void advance() {
             if (semi) {
                 semi = false;
                 return;
@@ -1951,7 +1951,7 @@ public final class GoalHouse {
 
         /** Takes word by word. */
         void read() {
-            next();
+            advance();
             for (int g = 0; g < LOOPS && fault == 0 && state != READ; g++) {
                 boolean used;
                 if (state == EXPRESSION) {
@@ -1964,7 +1964,7 @@ public final class GoalHouse {
                     used = state < TITLE ? item() : head();
                 }
                 if (used && fault == 0) {
-                    next();
+                    advance();
                 }
             }
         }
@@ -2308,7 +2308,7 @@ public final class GoalHouse {
             program.nodes.add(n);
         }
 
-        private Node node(int nodeKind, int op) {
+        private Node newNode(int nodeKind, int op) {
             Node n = new Node(nodeKind, op, place);
             register(n);
             return n;
@@ -2372,7 +2372,7 @@ public final class GoalHouse {
             } else if (kind == WORD) {
                 openWord();
             } else {
-                Node n = node(kind - 1, kind == KEY ? id : 0);
+                Node n = newNode(kind - 1, kind == KEY ? id : 0);
                 n.name = kind == NAME ? name : null;
                 n.lit = lit;
                 left = n;
@@ -2384,20 +2384,20 @@ public final class GoalHouse {
             if (id == LPAR) {
                 push(PAREN, new Node(Node.EMPTY, 0, place));
             } else if (id == LBRACE) {
-                push(SEQUENCE, node(Node.BRACE, 0));
+                push(SEQUENCE, newNode(Node.BRACE, 0));
             } else if (id == LBRACKET) {
-                push(ELEMENTS, node(Node.LIST, 0));
+                push(ELEMENTS, newNode(Node.LIST, 0));
             } else {
-                push(12, node(Node.OP, id));
+                push(12, newNode(Node.OP, id));
             }
         }
 
         private void openWord() {
             if (id == NOT) {
-                push(12, node(Node.OP, NOT_SIGN));
+                push(12, newNode(Node.OP, NOT_SIGN));
                 return;
             }
-            Node n = node(Node.WORD, id);
+            Node n = newNode(Node.WORD, id);
             push(contextOf(id), n);
             boolean leaves = id == RETURN || id == SUSPEND || id == FAIL;
             boolean jumps = id == BREAK || id == NEXT;
@@ -2508,14 +2508,14 @@ public final class GoalHouse {
         private boolean behind() {
             if (!semi && kind == SIGN) {
                 if (id == LPAR || id == LBRACKET) {
-                    Node n = node(id == LPAR ? Node.CALL : Node.SUB, 0);
+                    Node n = newNode(id == LPAR ? Node.CALL : Node.SUB, 0);
                     n.add(left);
                     left = null;
                     push(id == LPAR ? ARGUMENTS : PLACE, n);
                     return true;
                 }
                 if (id == DOT) {
-                    Node n = node(Node.FIELD, 0);
+                    Node n = newNode(Node.FIELD, 0);
                     n.add(left);
                     left = n;
                     state = WANT_FIELD;
@@ -2535,7 +2535,7 @@ public final class GoalHouse {
 
         private void infix(int rank, int op) {
             reduce(rank == 3 || rank == 10 ? rank + 1 : rank);
-            Node n = node(Node.OP, op);
+            Node n = newNode(Node.OP, op);
             n.add(left);
             left = null;
             push(rank, n);
@@ -3552,7 +3552,7 @@ static final int PREFIX = 11;
             }
             f.call = new Call(p, cells, 1, f);
             f.scan = base;
-            event(CALLED, f.call);
+            log(CALLED, f.call);
             mode = ENTER;
             cur = f;
         }
@@ -3638,14 +3638,14 @@ static final int PREFIX = 11;
             }
         }
 
-        Thing thing(int k) {
+        Thing thingAt(int k) {
             return k < 1 || k > things.size() ? null : things.get(k - 1);
         }
 
         /** What is to be shown; null: there is none such. */
         Val look(int what, int k, int i) {
             Scan s = cur == null ? base : cur.scan;
-            Thing t = thing(k);
+            Thing t = thingAt(k);
             switch (what) {
                 case 0:
                     return k < 0 || k >= program.globals.size() || k >= globals.length ? null : globals[k].in;
@@ -3666,7 +3666,7 @@ static final int PREFIX = 11;
             }
         }
 
-        private void event(int kind, Call c) {
+        private void log(int kind, Call c) {
             int k = told[EVENTS];
             if (k < MOST_EVENTS) {
                 events[4 * k] = kind;
@@ -3677,7 +3677,7 @@ static final int PREFIX = 11;
             told[EVENTS] = k + 1;
         }
 
-        private void count(Frame f, int what) {
+        private void tally(Frame f, int what) {
             int k = f.node == null || f.node.id < 0 ? -1 : 4 * f.node.id + what;
             if (k >= 0 && k < counts.length) {
                 counts[k]++;
@@ -3983,7 +3983,7 @@ static final int PREFIX = 11;
                 case RESUME:
                     kit.steps++;
                     told[DONE_STEPS]++;
-                    count(f, mode == BEGIN ? BEGUN : RESUMED);
+                    tally(f, mode == BEGIN ? BEGUN : RESUMED);
                     if (mode == BEGIN) {
                         begin(f);
                     } else {
@@ -3991,11 +3991,11 @@ static final int PREFIX = 11;
                     }
                     break;
                 case GIVES:
-                    count(f, GIVEN);
+                    tally(f, GIVEN);
                     gave(f, f.up);
                     break;
                 case FAILS:
-                    count(f, FAILURES);
+                    tally(f, FAILURES);
                     failed(f, f.up);
                     break;
                 case LOOKS:
@@ -4023,18 +4023,18 @@ static final int PREFIX = 11;
             }
         }
 
-        private void next(int what, Frame f) {
+        private void turnTo(int what, Frame f) {
             mode = what;
             cur = f;
         }
 
         private void give(Frame f, Val v) {
             f.res = v;
-            next(GIVES, f);
+            turnTo(GIVES, f);
         }
 
         private void again(Frame f) {
-            next(RESUME, f);
+            turnTo(RESUME, f);
         }
 
         /** The act has no more: the last operand is resumed. */
@@ -4047,11 +4047,11 @@ static final int PREFIX = 11;
 
         private void settle(Frame f, int code) {
             if (code == GAVE) {
-                next(GIVES, f);
+                turnTo(GIVES, f);
             } else if (code == FAILED) {
                 noMore(f);
             } else if (code >= ACT) {
-                next(code, f);
+                turnTo(code, f);
             } else if (code == BROKE && allowed(f, f)) {
                 noMore(f);
             }
@@ -4073,7 +4073,7 @@ static final int PREFIX = 11;
                 goalEnds(2);
             } else {
                 told[STATE] = 2;
-                next(IDLE, where);
+                turnTo(IDLE, where);
             }
             return false;
         }
@@ -4082,14 +4082,14 @@ static final int PREFIX = 11;
             Frame c = new Frame(kid, f);
             c.prev = f.last;
             f.last = c;
-            next(BEGIN, c);
+            turnTo(BEGIN, c);
         }
 
         private Frame inner(Frame f, Node kid, int state) {
             Frame c = new Frame(kid, f);
             f.inner = c;
             f.state = state;
-            next(BEGIN, c);
+            turnTo(BEGIN, c);
             return c;
         }
 
@@ -4100,7 +4100,7 @@ static final int PREFIX = 11;
                 k = k.next;
             }
             if (k == null) {
-                next(ACT, f);
+                turnTo(ACT, f);
             } else {
                 operand(f, k);
             }
@@ -4154,7 +4154,7 @@ static final int PREFIX = 11;
                     give(f, kit.nul);
                     break;
                 case 1:
-                    next(FAILS, f);
+                    turnTo(FAILS, f);
                     break;
                 case 2:
                     give(f, f.scan.cellOf(Val.SUBJECT));
@@ -4211,28 +4211,28 @@ static final int PREFIX = 11;
                     inner(f, n.kid, Frame.BODY);
                     break;
                 case CREATE:
-                    next(ACT, f);
+                    turnTo(ACT, f);
                     break;
                 case RETURN:
                     if (n.kid == null) {
-                        next(LEAVES, f);
+                        turnTo(LEAVES, f);
                     } else {
                         inner(f, n.kid, Frame.CONDITION);
                     }
                     break;
                 case SUSPEND:
                     if (n.kid == null) {
-                        next(LEAVES, f);
+                        turnTo(LEAVES, f);
                     } else {
                         f.state = Frame.CONDITION;
                         operand(f, n.kid);
                     }
                     break;
                 case FAIL:
-                    next(LEAVES, f);
+                    turnTo(LEAVES, f);
                     break;
                 default:
-                    next(JUMPS, f);
+                    turnTo(JUMPS, f);
             }
         }
 
@@ -4243,7 +4243,7 @@ static final int PREFIX = 11;
                 loop = loop.up;
             }
             if (loop == null) {
-                next(FAILS, f);
+                turnTo(FAILS, f);
                 return;
             }
             loop.inner = null;
@@ -4267,7 +4267,7 @@ static final int PREFIX = 11;
             } else if (loop.node.op == EVERY) {
                 loop.state = Frame.CONDITION;
                 if (loop.last == null) {
-                    next(FAILS, loop);
+                    turnTo(FAILS, loop);
                 } else {
                     again(loop.last);
                 }
@@ -4298,7 +4298,7 @@ static final int PREFIX = 11;
                     goOnCall(f, f.inner);
                     break;
                 case Frame.MORE:
-                    next(f.more == Acts.PUT_BACK || f.more == Acts.PUT_BOTH_BACK ? PUT_BACK : MORE, f);
+                    turnTo(f.more == Acts.PUT_BACK || f.more == Acts.PUT_BOTH_BACK ? PUT_BACK : MORE, f);
                     break;
                 default:
                     noMore(f);
@@ -4309,7 +4309,7 @@ static final int PREFIX = 11;
 
         private void gave(Frame c, Frame p) {
             if (p == null) {
-                next(IDLE, c);
+                turnTo(IDLE, c);
                 return;
             }
             switch (p.state) {
@@ -4329,7 +4329,7 @@ static final int PREFIX = 11;
                     break;
                 case Frame.NEGATED:
                     p.inner = null;
-                    next(FAILS, p);
+                    turnTo(FAILS, p);
                     break;
                 case Frame.AGAIN:
                     p.i = 1;
@@ -4344,7 +4344,7 @@ static final int PREFIX = 11;
                 case Frame.SCANNING:
                 case Frame.PART:
                 case Frame.GOAL:
-                    next(LOOKS, c);
+                    turnTo(LOOKS, c);
                     break;
                 default:
                     Node n = p.node;
@@ -4355,7 +4355,7 @@ static final int PREFIX = 11;
 
         private void failed(Frame c, Frame p) {
             if (p == null) {
-                next(IDLE, c);
+                turnTo(IDLE, c);
                 return;
             }
             switch (p.state) {
@@ -4364,7 +4364,7 @@ static final int PREFIX = 11;
                         inner(p, c.node.next, Frame.PASS);
                     } else {
                         p.inner = null;
-                        next(FAILS, p);
+                        turnTo(FAILS, p);
                     }
                     break;
                 case Frame.CALL:
@@ -4385,7 +4385,7 @@ static final int PREFIX = 11;
                     break;
                 case Frame.AGAIN:
                     if (p.i == 0) {
-                        next(FAILS, p);
+                        turnTo(FAILS, p);
                     } else {
                         p.i = 0;
                         inner(p, c.node, Frame.AGAIN);
@@ -4412,7 +4412,7 @@ static final int PREFIX = 11;
         /** A scanning, case, return, suspend, part or goal looks at what c gave. */
         private void gaveValue(Frame c, Frame p) {
             if (p == null || c.res == null) {
-                next(IDLE, c);
+                turnTo(IDLE, c);
                 return;
             }
             Val v = value(c.res);
@@ -4444,7 +4444,7 @@ static final int PREFIX = 11;
                     break;
                 case UNTIL:
                     p.inner = null;
-                    next(FAILS, p);
+                    turnTo(FAILS, p);
                     break;
                 case WHILE:
                 case EVERY:
@@ -4455,7 +4455,7 @@ static final int PREFIX = 11;
                     }
                     break;
                 default:
-                    next(LOOKS, c);
+                    turnTo(LOOKS, c);
             }
         }
 
@@ -4464,7 +4464,7 @@ static final int PREFIX = 11;
             switch (p.node.op) {
                 case IF:
                     if (b == null || b.next == null) {
-                        next(FAILS, p);
+                        turnTo(FAILS, p);
                     } else {
                         inner(p, b.next, Frame.PASS);
                     }
@@ -4481,7 +4481,7 @@ static final int PREFIX = 11;
                     break;
                 case CASE:
                     if (c.node == p.node.kid) {
-                        next(FAILS, p);
+                        turnTo(FAILS, p);
                     } else {
                         nextClause(p, b == null ? null : b.next);
                     }
@@ -4489,7 +4489,7 @@ static final int PREFIX = 11;
                 default:
                     p.inner = null;
                     p.last = null;
-                    next(FAILS, p);
+                    turnTo(FAILS, p);
             }
         }
 
@@ -4530,7 +4530,7 @@ static final int PREFIX = 11;
             }
             if (n == null || n.next == null) {
                 p.inner = null;
-                next(FAILS, p);
+                turnTo(FAILS, p);
             } else {
                 inner(p, n.next, Frame.PASS);
             }
@@ -4569,11 +4569,11 @@ static final int PREFIX = 11;
         }
 
         void called(Call c) {
-            event(CALLED, c);
+            log(CALLED, c);
         }
 
         private void callFails(Call c) {
-            event(CALL_FAILED, c);
+            log(CALL_FAILED, c);
             if (c.frame.node == null) {
                 finish();
             } else {
@@ -4582,7 +4582,7 @@ static final int PREFIX = 11;
         }
 
         private void doReturn(Call c, Val v) {
-            event(RETURNS, c);
+            log(RETURNS, c);
             c.frame.inner = null;
             c.frame.state = Frame.ONE;
             leaveCall(c.frame, v);
@@ -4590,7 +4590,7 @@ static final int PREFIX = 11;
 
         private void doSuspend(Frame f, Val v) {
             Frame p = f.call.frame;
-            event(SUSPENDS, f.call);
+            log(SUSPENDS, f.call);
             p.inner = f;
             p.state = Frame.SUSPENDED;
             leaveCall(p, v);
@@ -4610,11 +4610,11 @@ static final int PREFIX = 11;
                 noMore(f);
                 return;
             }
-            event(CALL_RESUMED, suspend.call);
+            log(CALL_RESUMED, suspend.call);
             f.state = Frame.CALL;
             Node e = suspend.node.kid;
             if (e == null) {
-                next(FAILS, suspend);
+                turnTo(FAILS, suspend);
             } else if (e.next != null) {
                 inner(suspend, e.next, Frame.BODY);
             } else {
@@ -4645,7 +4645,7 @@ static final int PREFIX = 11;
             t.level = level;
             t.waiter = f;
             active = t;
-            next(t.state == Thing.NEW ? BEGIN : RESUME, t.frame.inner);
+            turnTo(t.state == Thing.NEW ? BEGIN : RESUME, t.frame.inner);
             t.state = Thing.ACTIVE;
             return DONE;
         }
@@ -4653,7 +4653,7 @@ static final int PREFIX = 11;
         private void partGave(Val v) {
             Thing t = active;
             if (t == null) {
-                next(IDLE, null);
+                turnTo(IDLE, null);
                 return;
             }
             t.size++;
@@ -4666,7 +4666,7 @@ static final int PREFIX = 11;
         private void partFailed(Frame p) {
             Thing t = active;
             if (t == null) {
-                next(IDLE, p);
+                turnTo(IDLE, p);
                 return;
             }
             t.state = Thing.OVER;
