@@ -1877,7 +1877,7 @@ public final class GoalHouse {
         }
 
         private void lexQuoted(int quote) {
-            byte[] b = new byte[200];
+            byte[] b = kit.image;
             int n = 0;
             int i = at + 1;
             for (int g = 0; g < TAPE && fault == 0; g++) {
