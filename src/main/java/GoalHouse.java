@@ -2694,6 +2694,8 @@ public final class GoalHouse {
         Val[] vals = new Val[32];
         int argCount;
         final Thing bag = Thing.make(Val.GROUP);
+        /** The sign of what min() and max() have found. */
+        private int bestSign;
         /** What is called. */
         Val called;
         int cells;
@@ -3076,6 +3078,31 @@ public final class GoalHouse {
             return (int) q;
         }
 
+        void clearBest() {
+            bestSign = 1;
+            Arrays.fill(z, 0);
+        }
+
+        /** Keeps a whole's size in z if it is beyond what is there; false: BREAKS. No value is made for each. */
+        boolean better(Val v, int way, boolean first) {
+            int sign = v == null ? 0 : v.kind == Val.WHOLE ? load(v, x) : v.kind == Val.TEXT || v.kind == Val.SET ? wholeIn(asText(v, 3)) : 0;
+            if (sign == 0) {
+                breaks(v == null ? 19 : 1, v == null ? nul : v);
+                return false;
+            }
+            sign = sizeOf(x) == 0 ? 1 : sign;
+            int order = sign != bestSign ? sign - bestSign : sign * compareSizes(x, z);
+            if (first || order * way > 0) {
+                System.arraycopy(x, 0, z, 0, LIMBS);
+                bestSign = sign;
+            }
+            return true;
+        }
+
+        Val best() {
+            return store(bestSign, z);
+        }
+
         Val gcd(Val a, Val b) {
             load(a, x);
             load(b, y);
@@ -3140,11 +3167,20 @@ public final class GoalHouse {
                 i++;
             }
             int first = i;
-            clear();
+            int nine = 0;
+            int scale = 1;
+            Arrays.fill(x, 0);
             for (int g = 0; g < 61 && i < t.len && t.at(i) >= '0' && t.at(i) <= '9'; g++) {
-                scaleUp(10, t.at(i) - '0');
+                nine = nine * 10 + t.at(i) - '0';
+                scale *= 10;
                 i++;
+                if (scale == BASE) {
+                    scaleUp(scale, nine);
+                    nine = 0;
+                    scale = 1;
+                }
             }
+            scaleUp(scale, nine);
             int n = i - first;
             for (int g = 0; g < t.len && i < t.len && t.at(i) == ' '; g++) {
                 i++;
@@ -3176,7 +3212,9 @@ public final class GoalHouse {
                 t.len = digits(load(v, x), t.bytes);
             } else {
                 for (int i = 0; i < 256; i++) {
-                    if (v.has(i)) {
+                    if (v.bits != null && v.bits[i >> 6] == 0) {
+                        i |= 63;
+                    } else if (v.has(i)) {
                         t.bytes[t.len] = (byte) i;
                         t.len++;
                     }
@@ -6380,17 +6418,13 @@ static final int PREFIX = 11;
 
         static int extreme(Kit kit, Frame f) {
             int way = kit.called.proc.index == MIN ? -1 : 1;
-            Val best = null;
+            kit.clearBest();
             for (int i = 0; i < Math.max(1, kit.argCount - 1); i++) {
-                Val w = kit.whole(kit.given(i, kit.nul));
-                if (w == null) {
+                if (!kit.better(kit.given(i, kit.nul), way, i == 0)) {
                     return BROKE;
                 }
-                if (best == null || kit.compare(w, best) * way > 0) {
-                    best = w;
-                }
             }
-            return gives(f, best);
+            return gives(f, kit.best());
         }
     }
 }
