@@ -721,7 +721,53 @@ public final class GoalHouseTest {
         due("call failed", x.counted(0, 4, 3), 1);
     }
 
+    // ---- what a run uses up
+
+    private static void uses(String body, int things, int cells, int made) {
+        GoalHouse x = body("x := y := [1, 2, 3]; " + body);
+        due(body + " ends", x.told(0, 0), 0);
+        due(body + " things", x.told(0, 5) - 1, things);
+        due(body + " cells", x.told(0, 6) - 5, cells);
+        due(body + " made", x.told(0, 7), made);
+    }
+
+    private static void used() {
+        uses("1", 0, 0, 0);
+        uses("x ||| [4]", 2, 5, 0);
+        uses("x[2:4]", 1, 2, 0);
+        uses("copy(x)", 1, 3, 0);
+        uses("copy(1)", 0, 0, 0);
+        uses("sort(x)", 1, 3, 0);
+        uses("reverse(x)", 1, 3, 0);
+        uses("put(x, 1, 2); push(x)", 0, 3, 0);
+        uses("get(x)", 0, 0, 0);
+        uses("y := table(); y[1] := 2; y[1] := 3; insert(y, 2, 3); insert(y, 2)", 1, 2, 0);
+        uses("y := table(); y[1] := y[2] := 0; sort(y)", 4, 8, 0);
+        uses("y := table(); y[1] := 0; copy(y)", 2, 2, 0);
+        uses("group([1, 1, 2])", 2, 5, 0);
+        uses("y := group(x); insert(y, 3); insert(y, 4); y ++ y", 2, 8, 0);
+        uses("list(7)", 1, 7, 0);
+        uses("y := create 1; ^y", 2, 4, 0);
+        uses("y := \"abcd\"; y[2:3] := \"xyz\"; y[1]; y[1:3]", 0, 0, 6);
+        uses("12 || 'ab'; \"a\" || \"\"", 0, 0, 5);
+        uses("123[2]; 'abc'[1:2]; !123; ?'abc'; *123", 0, 0, 6);
+        uses("3 == \"3\"; \"3\" == 3; \"3\" == 4", 0, 0, 1);
+        uses("12 ? tab(0); &subject := 'abc'; \"x\" ? tab(0)", 0, 0, 5);
+        uses("trim(\"ab \"); trim(12); type(1); proc(\"main\"); text(\"ab\"); text(12)", 0, 0, 4);
+        uses("image(&null); left(\"a\", 3); repl(\"ab\", 2); char(65); map(\"AB\"); reverse(\"abc\")", 0, 0, 5 + 3 + 4 + 1 + 2 + 3);
+        uses("y := \"ab\"; &error := 1; y[5:6] := \"x\" | 1; y ||:= \"cd\"", 0, 0, 4);
+        GoalHouse z = whole("global t\nprocedure f(a, b[]);local c;d := 1;end;procedure main(q[]);t := table(\"ab\");"
+                + "&error := 1000;repeat { list(500) | break };repeat { list(20) | break };repeat { list(1) | break };t[1] ||:= \"c\";write(&number);t[2][1] := \"xyz\";f(1, 2, 3);end");
+        due("full of cells", z.told(0, 6), 6000);
+        due("what op := would assign stays made", z.told(0, 7), 3);
+        due("number of the break", out(z, 0), "14\n");
+        z = whole("procedure f(a, b[]);local c;d := 1;end;procedure main();f(1, 2, 3);f();end");
+        due("cells of calls", z.told(0, 6), 4 + 2 + 4);
+        due("things of calls", z.told(0, 5), 2);
+    }
+
     public static void main(String[] args) {
+        used();
         tape();
         words();
         places();
