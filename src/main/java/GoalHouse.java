@@ -3438,7 +3438,7 @@ public final class GoalHouse {
         private static final int ENTER = 8;
         // The acts, and what they come to first.
         private static final int ACT = 10;
-static final int PREFIX = 11;
+        static final int PREFIX = 11;
         static final int SPECIAL = 12;
         static final int PLAIN_ACT = 13;
         static final int AUGMENTED = 14;
