@@ -169,7 +169,16 @@ public final class GoalHouse {
         if (fault != 0) {
             return -10 - faultPlace;
         }
-        p.writeAll(kit);
+        for (int i = 0; i < p.items.size(); i++) {
+            Proc item = p.items.get(i);
+            if (item.kind == Proc.GLOBALS) {
+                p.writeGlobals(item);
+            } else if (item.kind == Proc.MAKER) {
+                p.writeHead("record", item, item.names.size());
+            } else {
+                p.writeProc(item, kit);
+            }
+        }
         programs[free] = p;
         return free;
     }
@@ -915,7 +924,7 @@ public final class GoalHouse {
 
         /** The first place from this on at which a key or member stands; -1: none. */
         int from(int slot) {
-            for (int i = Math.max(0, slot); i < used && keys != null && i < keys.length; i++) {
+            for (int i = slot < 0 ? 0 : slot; i < used && keys != null && i < keys.length; i++) {
                 if (keys[i] != null) {
                     return i;
                 }
@@ -1295,22 +1304,13 @@ public final class GoalHouse {
             }
         }
 
-        void writeAll(Kit kit) {
-            for (int i = 0; i < items.size(); i++) {
-                Proc p = items.get(i);
-                if (p.kind == Proc.GLOBALS) {
-                    names("global", p.names, 0, p.names.size());
-                    endLine(true);
-                } else if (p.kind == Proc.MAKER) {
-                    writeHead("record", p, p.names.size());
-                } else {
-                    writeProc(p, kit);
-                }
-            }
+        void writeGlobals(Proc p) {
+            names("global", p.names, 0, p.names.size());
+            endLine(true);
         }
 
         /** The first line of a procedure, or a record. */
-        private void writeHead(String word, Proc p, int count) {
+        void writeHead(String word, Proc p, int count) {
             word(word, false, false);
             word(p.name, false, false);
             word("(", true, true);
@@ -1328,7 +1328,7 @@ public final class GoalHouse {
             endLine(true);
         }
 
-        private void writeProc(Proc p, Kit kit) {
+        void writeProc(Proc p, Kit kit) {
             writeHead("procedure", p, p.params);
             if (p.told > p.params) {
                 indent();
@@ -3951,6 +3951,8 @@ public final class GoalHouse {
                     settle(f, Acts.assigning(this, f));
                 } else if (mode == SWAPPING) {
                     settle(f, Acts.swap(this, f));
+                } else if (mode == APPLYING) {
+                    settle(f, Acts.applied(this, f));
                 } else if (mode == CALL_SCAN) {
                     settle(f, Acts.scan(this, f));
                 } else if (mode == PUT_BACK) {
@@ -3979,8 +3981,6 @@ public final class GoalHouse {
                     return Acts.element(this, f);
                 case BETWEEN:
                     return Acts.between(this, f);
-                case APPLYING:
-                    return Acts.applied(this, f);
                 default:
                     return Acts.building(this, f);
             }
@@ -3989,7 +3989,7 @@ public final class GoalHouse {
         private int performCall(Frame f) {
             switch (mode) {
                 case CALLING:
-                    return Acts.calling(this, f);
+                    return Acts.wayToCall(this, kit.vals[0]);
                 case CALL_WHOLE:
                     return Acts.chosen(kit, f);
                 case CALL_SOURCE:
@@ -5483,7 +5483,7 @@ public final class GoalHouse {
         // ---- calls
 
         /** What calls this comes to, if it can be called; what is called stands in the kit. */
-        private static int wayToCall(Run r, Val v) {
+        static int wayToCall(Run r, Val v) {
             Kit kit = r.kit;
             if (v == null) {
                 return kit.breaks(19, kit.nul);
@@ -5516,10 +5516,6 @@ public final class GoalHouse {
                 return Run.CALL_EXTREME;
             }
             return p.index <= ORD ? Run.CALL_TEXTS : Run.CALL_NUMBERS;
-        }
-
-        static int calling(Run r, Frame f) {
-            return wayToCall(r, r.kit.vals[0]);
         }
 
         static int applied(Run r, Frame f) {
