@@ -5072,7 +5072,7 @@ public final class GoalHouse {
             if (Kit.signOf(c) == 0) {
                 return kit.breaks(11, kit.nul);
             }
-            if (beyond(kit, a, b, c)) {
+            if (beyond(kit.compare(a, b), c)) {
                 return FAILED;
             }
             f.a = b;
@@ -5082,9 +5082,8 @@ public final class GoalHouse {
             return gives(f, a);
         }
 
-        private static boolean beyond(Kit kit, Val a, Val b, Val c) {
-            int k = kit.compare(a, b);
-            return Kit.signOf(c) > 0 ? k > 0 : k < 0;
+        private static boolean beyond(int order, Val step) {
+            return Kit.signOf(step) > 0 ? order > 0 : order < 0;
         }
 
         /** What op made is to be assigned then. */
@@ -5659,7 +5658,7 @@ public final class GoalHouse {
             switch (f.more) {
                 case COUNT_UP:
                     Val n = r.kit.add(f.res, f.b, 1);
-                    return n == null || beyond(r.kit, n, f.a, f.b) ? FAILED : gives(f, n);
+                    return n == null || beyond(r.kit.compare(n, f.a), f.b) ? FAILED : gives(f, n);
                 case EACH:
                     return nextOf(r, f, f.a);
                 case POS_BACK:
