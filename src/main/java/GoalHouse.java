@@ -778,6 +778,11 @@ public final class GoalHouse {
             if (items == null || head + size >= items.length) {
                 spread();
             }
+            fill(cell);
+        }
+
+        /** A cell comes at the right end, where there is room for it. */
+        void fill(Val cell) {
             int k = head + size;
             if (k >= 0 && k < items.length) {
                 items[k] = cell;
@@ -2885,11 +2890,12 @@ public final class GoalHouse {
 
         /** Puts a whole's size into these limbs; its sign. */
         private static int load(Val v, int[] to) {
-            Arrays.fill(to, 0);
-            if (v.big != null) {
-                System.arraycopy(v.big, 0, to, 0, Math.min(v.big.length, to.length));
-            } else {
-                long m = Math.abs(v.num);
+            int[] big = v.big;
+            for (int i = 0; i < LIMBS; i++) {
+                to[i] = big != null && i < big.length ? big[i] : 0;
+            }
+            if (big == null) {
+                long m = v.num < 0 ? -v.num : v.num;
                 to[0] = (int) (m % BASE);
                 to[1] = (int) (m / BASE);
             }
@@ -5102,42 +5108,42 @@ public final class GoalHouse {
             Val b = kit.vals[1];
             int k = f.node.op - FIRST_WITH_ASSIGN;
             int op = k >= 0 && k < PLAIN.length ? PLAIN[k] : f.node.op;
-            if (op >= LESS && op < TEXTLESS) {
-                return compareWholes(kit, f, op - LESS);
+            if (op == JOINLISTS) {
+                return joinLists(r, f, kit.list(a), b);
             }
-            if (op >= TEXTLESS && op < ALIKE) {
-                return compareTexts(r, f, op - TEXTLESS);
+            if (op >= TEXTLESS && op < ALIKE || op == JOIN) {
+                Val s = kit.text(a, 0);
+                Val t = s == null ? null : kit.text(b, 1);
+                if (t == null) {
+                    return BROKE;
+                }
+                return op == JOIN ? join(r, f, s, t) : compareTexts(r, f, op - TEXTLESS, s, t);
             }
-            switch (op) {
-                case ALIKE:
-                case UNALIKE:
-                    if (a == null || b == null) {
-                        return kit.breaks(19, kit.nul);
-                    }
+            if (op == ALIKE || op == UNALIKE || op == UNION || op == WITHOUT || op == BOTH) {
+                if (a == null || b == null) {
+                    return kit.breaks(19, kit.nul);
+                }
+                if (op == ALIKE || op == UNALIKE) {
                     f.res = b;
                     return Val.alike(a, b) == (op == ALIKE) ? GAVE : FAILED;
-                case JOIN:
-                    return join(r, f, kit.text(a, 0), b);
-                case JOINLISTS:
-                    return joinLists(r, f, kit.list(a), b);
-                case UNION:
-                case WITHOUT:
-                case BOTH:
-                    if (a == null || b == null) {
-                        return kit.breaks(19, kit.nul);
-                    }
-                    if (a.kind == Val.GROUP && b.kind == Val.GROUP) {
-                        return combineGroups(r, f, op, a.thing, b.thing);
-                    }
-                    return combineSets(kit, f, op, kit.set(a), b);
-                default:
-                    Val v = kit.whole(a);
-                    Val w = v == null ? null : kit.whole(b);
-                    if (w == null) {
-                        return BROKE;
-                    }
-                    return op == POWER ? power(kit, f, v, w) : reckon(kit, f, op, v, w);
+                }
+                if (a.kind == Val.GROUP && b.kind == Val.GROUP) {
+                    return combineGroups(r, f, op, a.thing, b.thing);
+                }
+                Val s = kit.set(a);
+                Val t = s == null ? null : kit.set(b);
+                return t == null ? BROKE : combineSets(f, op, s, t);
             }
+            Val v = kit.whole(a);
+            Val w = v == null ? null : kit.whole(b);
+            if (w == null) {
+                return BROKE;
+            }
+            if (op >= LESS && op < TEXTLESS) {
+                f.res = w;
+                return holds(op - LESS, kit.compare(v, w)) ? GAVE : FAILED;
+            }
+            return op == POWER ? power(kit, f, v, w) : reckon(kit, f, op, v, w);
         }
 
         /** By the order of the signs: below, not above, the same, not below, above, another one. */
@@ -5158,29 +5164,12 @@ public final class GoalHouse {
             }
         }
 
-        private static int compareWholes(Kit kit, Frame f, int which) {
-            Val v = kit.whole(kit.vals[0]);
-            Val w = v == null ? null : kit.whole(kit.vals[1]);
-            if (w == null) {
-                return BROKE;
-            }
-            f.res = w;
-            return holds(which, kit.compare(v, w)) ? GAVE : FAILED;
+        private static int compareTexts(Run r, Frame f, int which, Val s, Val t) {
+            return holds(which, Kit.compareTexts(s, t)) ? gives(f, r.madeOf(r.kit.vals[1], t)) : FAILED;
         }
 
-        private static int compareTexts(Run r, Frame f, int which) {
-            Kit kit = r.kit;
-            Val s = kit.text(kit.vals[0], 0);
-            Val t = s == null ? null : kit.text(kit.vals[1], 1);
-            if (t == null) {
-                return BROKE;
-            }
-            return holds(which, Kit.compareTexts(s, t)) ? gives(f, r.madeOf(kit.vals[1], t)) : FAILED;
-        }
-
-        private static int join(Run r, Frame f, Val s, Val b) {
-            Val t = s == null ? null : r.kit.text(b, 1);
-            Val to = t == null ? null : r.make(s.len + t.len);
+        private static int join(Run r, Frame f, Val s, Val t) {
+            Val to = r.make(s.len + t.len);
             if (to == null) {
                 return BROKE;
             }
@@ -5223,11 +5212,7 @@ public final class GoalHouse {
             return to == null ? kit.breaks(12, kit.nul) : gives(f, to);
         }
 
-        private static int combineSets(Kit kit, Frame f, int op, Val s, Val b) {
-            Val t = s == null ? null : kit.set(b);
-            if (t == null) {
-                return BROKE;
-            }
+        private static int combineSets(Frame f, int op, Val s, Val t) {
             Val to = Kit.emptySet();
             for (int i = 0; i < 4; i++) {
                 long x = s.bits[i];
@@ -5432,7 +5417,7 @@ public final class GoalHouse {
             for (int k = 0; k < n; k++) {
                 Val c = from.cell(i + k);
                 if (c != null) {
-                    to.addRight(Val.cell(c.in));
+                    to.fill(Val.cell(c.in));
                 }
             }
         }
