@@ -555,6 +555,7 @@ public final class GoalHouse {
         int len;
         long[] bits;
         Thing thing;
+        /** What a cell has or belongs to; of a value that lies in a work row, itself. */
         Val in;
         Scan scan;
         Proc proc;
@@ -577,9 +578,32 @@ public final class GoalHouse {
             return v;
         }
 
+        static Val word(String s) {
+            byte[] b = new byte[s.length()];
+            for (int i = 0; i < b.length; i++) {
+                b[i] = (byte) s.charAt(i);
+            }
+            return text(b, 0, b.length);
+        }
+
         static Val cell(Val value) {
             Val v = new Val(CELL);
             v.in = value;
+            return v;
+        }
+
+        /** This value as it can be kept: one that lies in a work row is copied. */
+        Val lasting() {
+            if (in != this) {
+                return this;
+            }
+            Val v = new Val(kind);
+            v.num = num;
+            v.big = big == null ? null : Arrays.copyOf(big, big.length);
+            v.bytes = bytes;
+            v.off = off;
+            v.len = len;
+            v.bits = bits == null ? null : Arrays.copyOf(bits, bits.length);
             return v;
         }
 
@@ -1043,8 +1067,11 @@ public final class GoalHouse {
         Call call;
         Scan scan;
         Val res;
+        /** What further results come from. */
         Val a;
         Val b;
+        Val c;
+        Val d;
         int state;
         /** What gives more results: one of Acts' numbers. */
         int more;
@@ -1154,6 +1181,8 @@ public final class GoalHouse {
         /** Holds the expressions of the body. */
         Node body;
         Val val;
+        /** The NAME as a text, when it was asked for. */
+        Val word;
 
         Proc(String name, int kind) {
             this.name = name;
@@ -2681,14 +2710,24 @@ public final class GoalHouse {
         static final int OPENING = 5;
         static final int CLOSING = 6;
         static final int BLANK = 7;
+        static final int ZERO = 8;
+        static final int ONE = 9;
+        static final int RANDOM = 10;
+        static final int ERROR = 11;
+        static final int KINDS = 12;
+        // Where the work places of each kind begin.
+        private static final int WHOLES = 4;
+        private static final int BIG_WHOLES = 7;
+        private static final int SETS = 10;
 
         final Val nul = new Val(Val.NULL);
         final Val empty = Val.text(new byte[0], 0, 0);
         final Val[] singles = new Val[256];
-        final Val[] sets = new Val[8];
+        /** Values and cells that never change. */
+        final Val[] fixed = new Val[22];
         final Proc[] library = new Proc[BUILT_INS];
-        /** Texts of wholes and sets that nobody keeps. */
-        private final Val[] work = new Val[4];
+        /** What values are looked at as: texts, wholes, big wholes, sets. */
+        private final Val[] work = new Val[13];
         private int[] x = new int[LIMBS];
         private int[] y = new int[LIMBS];
         private final int[] z = new int[LIMBS];
@@ -2697,10 +2736,10 @@ public final class GoalHouse {
         /** The results of the operands that are looked at, and their values; null: it has none any more. */
         Val[] args = new Val[32];
         Val[] vals = new Val[32];
+        /** The values of operands that are made by looking, a whole and a text for each operand. */
+        private Val[] loose = new Val[64];
         int argCount;
         final Thing bag = Thing.make(Val.GROUP);
-        /** The sign of what min() and max() have found. */
-        private int bestSign;
         /** What is called. */
         Val called;
         int cells;
@@ -2715,22 +2754,40 @@ public final class GoalHouse {
                 bytes[i] = (byte) i;
                 singles[i] = Val.text(bytes, i, 1);
             }
-            for (int i = 0; i < work.length; i++) {
-                work[i] = Val.text(new byte[520], 0, 0);
-            }
+            startWork();
             for (int i = 0; i < BUILT_INS; i++) {
                 library[i] = Proc.make(wordOf(BUILT_IN, i), Proc.LIBRARY, i);
             }
-            sets[LETTERS] = range('A', 'Z', 'a', 'z');
-            sets[DIGITS] = range('0', '9', '0', '9');
-            sets[LOWER] = range('a', 'z', 'a', 'z');
-            sets[UPPER] = range('A', 'Z', 'A', 'Z');
-            sets[ALL] = range(0, 255, 0, 255);
-            sets[OPENING] = range('(', '(', '(', '(');
-            sets[CLOSING] = range(')', ')', ')', ')');
-            sets[BLANK] = range(32, 32, 32, 32);
+            fixed[LETTERS] = range('A', 'Z', 'a', 'z');
+            fixed[DIGITS] = range('0', '9', '0', '9');
+            fixed[LOWER] = range('a', 'z', 'a', 'z');
+            fixed[UPPER] = range('A', 'Z', 'A', 'Z');
+            fixed[ALL] = range(0, 255, 0, 255);
+            fixed[OPENING] = range('(', '(', '(', '(');
+            fixed[CLOSING] = range(')', ')', ')', ')');
+            fixed[BLANK] = range(32, 32, 32, 32);
+            fixed[ZERO] = Val.whole(0);
+            fixed[ONE] = Val.whole(1);
+            fixed[RANDOM] = new Val(Val.RANDOM);
+            fixed[ERROR] = new Val(Val.ERROR);
+            for (int i = Val.NULL; i <= Val.PART; i++) {
+                fixed[KINDS + i] = Val.word(kindName(i));
+            }
             breakValue = nul;
             called = nul;
+        }
+
+        private void startWork() {
+            for (int i = 0; i < work.length; i++) {
+                if (i < WHOLES) {
+                    work[i] = Val.text(new byte[520], 0, 0);
+                } else {
+                    work[i] = new Val(i < SETS ? Val.WHOLE : Val.SET);
+                    work[i].big = i >= BIG_WHOLES && i < SETS ? new int[7] : null;
+                    work[i].bits = i >= SETS ? new long[4] : null;
+                    work[i].in = work[i];
+                }
+            }
         }
 
         private static Val range(int a, int b, int c, int d) {
@@ -2755,14 +2812,31 @@ public final class GoalHouse {
             return BROKE;
         }
 
+        private static Val[] doubled(Val[] row) {
+            Val[] more = new Val[2 * row.length];
+            System.arraycopy(row, 0, more, 0, row.length);
+            return more;
+        }
+
+        /** The work place for a whole or text that operand at has as its value. */
+        Val passing(int at, int kind) {
+            int k = 2 * at + (kind == Val.TEXT ? 1 : 0);
+            Val v = k >= 0 && k < loose.length ? loose[k] : null;
+            if (v == null) {
+                v = new Val(kind);
+                v.in = v;
+                if (k >= 0 && k < loose.length) {
+                    loose[k] = v;
+                }
+            }
+            return v;
+        }
+
         void arg(Val result, Val value) {
             if (argCount >= args.length) {
-                Val[] more = new Val[2 * args.length];
-                Val[] values = new Val[2 * args.length];
-                System.arraycopy(args, 0, more, 0, args.length);
-                System.arraycopy(vals, 0, values, 0, args.length);
-                args = more;
-                vals = values;
+                args = doubled(args);
+                vals = doubled(vals);
+                loose = doubled(loose);
             }
             args[argCount] = result;
             vals[argCount] = value;
@@ -2780,19 +2854,23 @@ public final class GoalHouse {
             return false;
         }
 
-        // ---- what an operand's value is looked at as; null: BREAKS
+        // ---- what an operand's value is looked at as, at a work place if it is not so; null: BREAKS
 
-        Val whole(Val v) {
-            Val w = null;
+        Val whole(Val v, int place) {
             if (v != null && v.kind == Val.WHOLE) {
                 return v;
             }
-            if (v != null && (v.kind == Val.TEXT || v.kind == Val.SET)) {
-                int sign = wholeIn(asText(v, 3));
-                w = sign == 0 ? null : store(sign, x);
-            }
-            if (w == null) {
+            boolean text = v != null && (v.kind == Val.TEXT || v.kind == Val.SET);
+            int sign = text ? wholeIn(asText(v, 3)) : 0;
+            if (sign == 0) {
                 breaks(v == null ? 19 : 1, v == null ? nul : v);
+                return null;
+            }
+            boolean small = isSmall(x);
+            Val w = work[(small ? WHOLES : BIG_WHOLES) + place];
+            w.num = small ? sign * ((long) x[1] * BASE + x[0]) : sign;
+            if (w.big != null) {
+                System.arraycopy(x, 0, w.big, 0, w.big.length);
             }
             return w;
         }
@@ -2805,7 +2883,7 @@ public final class GoalHouse {
             return t;
         }
 
-        Val set(Val v) {
+        Val set(Val v, int place) {
             if (v != null && v.kind == Val.SET) {
                 return v;
             }
@@ -2814,7 +2892,10 @@ public final class GoalHouse {
                 breaks(v == null ? 19 : 3, v == null ? nul : v);
                 return null;
             }
-            Val s = emptySet();
+            Val s = work[SETS + place];
+            if (s.bits != null) {
+                Arrays.fill(s.bits, 0);
+            }
             for (int i = 0; i < t.len; i++) {
                 s.put(t.at(i));
             }
@@ -2868,23 +2949,32 @@ public final class GoalHouse {
             return store(sign, x);
         }
 
+        /** Whether the whole of these limbs has 60 digits at most. */
+        private static boolean fits(int[] limbs) {
+            int high = 0;
+            for (int i = 7; i < limbs.length; i++) {
+                high |= limbs[i];
+            }
+            return high == 0 && limbs[6] < 1000000;
+        }
+
+        /** Whether it is below 10^18. */
+        private static boolean isSmall(int[] limbs) {
+            return (limbs[2] | limbs[3] | limbs[4] | limbs[5] | limbs[6]) == 0;
+        }
+
         /** The whole of these limbs; null: it has more than 60 digits. */
         private static Val store(int sign, int[] from) {
-            int high = 0;
-            for (int i = 7; i < from.length; i++) {
-                high |= from[i];
-            }
-            if (high != 0 || from[6] >= 1000000) {
+            if (!fits(from)) {
                 return null;
             }
-            if ((from[2] | from[3] | from[4] | from[5] | from[6]) == 0) {
-                Val small = new Val(Val.WHOLE);
-                small.num = sign * ((long) from[1] * BASE + from[0]);
-                return small;
-            }
             Val v = new Val(Val.WHOLE);
-            v.num = sign;
-            v.big = Arrays.copyOf(from, 7);
+            if (isSmall(from)) {
+                v.num = sign * ((long) from[1] * BASE + from[0]);
+            } else {
+                v.num = sign;
+                v.big = Arrays.copyOf(from, 7);
+            }
             return v;
         }
 
@@ -2986,6 +3076,26 @@ public final class GoalHouse {
             }
         }
 
+        /** a to the power of n, which is 0 .. 255; null: more than 60 digits. The wholes on the way lie in rows. */
+        Val power(Val a, int n) {
+            Arrays.fill(x, 0);
+            x[0] = 1;
+            for (int bit = 7; bit >= 0; bit--) {
+                System.arraycopy(x, 0, y, 0, LIMBS);
+                multiply();
+                System.arraycopy(z, 0, x, 0, LIMBS);
+                if (fits(x) && (n >> bit & 1) != 0) {
+                    load(a, y);
+                    multiply();
+                    System.arraycopy(z, 0, x, 0, LIMBS);
+                }
+                if (!fits(x)) {
+                    return null;
+                }
+            }
+            return store(signOf(a) < 0 && (n & 1) != 0 ? -1 : 1, x);
+        }
+
         /** a divided by b, which is not 0, cut towards 0; with rest what is left. */
         Val divide(Val a, Val b, boolean rest) {
             if (a.big == null && b.big == null && b.num != 0) {
@@ -3082,31 +3192,6 @@ public final class GoalHouse {
                 }
             }
             return (int) q;
-        }
-
-        void clearBest() {
-            bestSign = 1;
-            Arrays.fill(z, 0);
-        }
-
-        /** Keeps a whole's size in z if it is beyond what is there; false: BREAKS. No value is made for each. */
-        boolean better(Val v, int way, boolean first) {
-            int sign = v == null ? 0 : v.kind == Val.WHOLE ? load(v, x) : v.kind == Val.TEXT || v.kind == Val.SET ? wholeIn(asText(v, 3)) : 0;
-            if (sign == 0) {
-                breaks(v == null ? 19 : 1, v == null ? nul : v);
-                return false;
-            }
-            sign = sizeOf(x) == 0 ? 1 : sign;
-            int order = sign != bestSign ? sign - bestSign : sign * compareSizes(x, z);
-            if (first || order * way > 0) {
-                System.arraycopy(x, 0, z, 0, LIMBS);
-                bestSign = sign;
-            }
-            return true;
-        }
-
-        Val best() {
-            return store(bestSign, z);
         }
 
         Val gcd(Val a, Val b) {
@@ -3224,18 +3309,6 @@ public final class GoalHouse {
                         t.bytes[t.len] = (byte) i;
                         t.len++;
                     }
-                }
-            }
-            return t;
-        }
-
-        /** A text that stays as it is when the work places are used again. */
-        Val lasting(Val t) {
-            for (Val w : work) {
-                if (w == t) {
-                    byte[] b = new byte[t.len];
-                    System.arraycopy(t.bytes, 0, b, 0, t.len);
-                    return Val.text(b, 0, t.len);
                 }
             }
             return t;
@@ -3381,7 +3454,7 @@ public final class GoalHouse {
             if (t == null) {
                 return;
             }
-            putName(typeOf(t));
+            putName(t.maker == null ? kindName(t.kind) : t.maker.name);
             put('_');
             putNumber(t.number);
             put('(');
@@ -3389,8 +3462,19 @@ public final class GoalHouse {
             put(')');
         }
 
-        static String typeOf(Thing t) {
-            switch (t.kind) {
+        /** What a value of this kind is called, if it is no record. */
+        private static String kindName(int kind) {
+            switch (kind) {
+                case Val.NULL:
+                    return "null";
+                case Val.WHOLE:
+                    return "whole";
+                case Val.TEXT:
+                    return "text";
+                case Val.SET:
+                    return "set";
+                case Val.PROC:
+                    return "procedure";
                 case Val.LIST:
                     return "list";
                 case Val.GROUP:
@@ -3400,7 +3484,7 @@ public final class GoalHouse {
                 case Val.PART:
                     return "part";
                 default:
-                    return t.maker == null ? "record" : t.maker.name;
+                    return "record";
             }
         }
     }
@@ -3794,7 +3878,7 @@ public final class GoalHouse {
         /** The text t, MADE if its value was none; null: BREAKS. */
         Val madeOf(Val value, Val t) {
             if (value.kind == Val.TEXT) {
-                return t;
+                return t.lasting();
             }
             Val m = make(t.len);
             if (m != null) {
@@ -3805,8 +3889,8 @@ public final class GoalHouse {
 
         // ---- results and their values
 
-        /** The value of a result; null: BREAKS. */
-        Val value(Val r) {
+        /** The value of a result, which may lie at the work place of operand at; null: BREAKS. */
+        Val value(Val r, int at) {
             Val c = r.kind == Val.SECTION ? r.in : r;
             Val v = c;
             switch (c.kind) {
@@ -3820,11 +3904,11 @@ public final class GoalHouse {
                 case Val.SUBJECT:
                     return c.scan.subject;
                 case Val.POS:
-                    return Val.whole(c.scan.pos);
                 case Val.RANDOM:
-                    return Val.whole(told[RANDOM]);
                 case Val.ERROR:
-                    return Val.whole(told[ERROR]);
+                    v = kit.passing(at, Val.WHOLE);
+                    v.num = c.kind == Val.POS ? c.scan.pos : told[c.kind == Val.RANDOM ? RANDOM : ERROR];
+                    return v;
                 default:
                     break;
             }
@@ -3835,7 +3919,11 @@ public final class GoalHouse {
                 kit.breaks(19, kit.nul);
                 return null;
             }
-            return Val.text(v.bytes, v.off + r.off, r.len);
+            Val t = kit.passing(at, Val.TEXT);
+            t.bytes = v.bytes;
+            t.off = v.off + r.off;
+            t.len = r.len;
+            return t;
         }
 
         // ---- assigning
@@ -3843,12 +3931,12 @@ public final class GoalHouse {
         int assign(Val c, Val v) {
             switch (c.kind) {
                 case Val.CELL:
-                    c.in = v;
+                    c.in = v.lasting();
                     return GAVE;
                 case Val.COMING:
-                    return assignComing(c, v);
+                    return assignComing(c, v.lasting());
                 case Val.SECTION:
-                    Val old = value(c.in);
+                    Val old = value(c.in, 0);
                     int before = told[MADE];
                     Val all = old == null ? null : replaced(c, kit.text(v, 0), old);
                     if (all == null || c.in.kind == Val.COMING && assignComing(c.in, all) != GAVE) {
@@ -3870,9 +3958,9 @@ public final class GoalHouse {
                     c.scan.pos = 1;
                     return GAVE;
                 case Val.POS:
-                    return assignPos(c.scan, kit.whole(v));
+                    return assignPos(c.scan, kit.whole(v, 0));
                 default:
-                    return assignNumber(c.kind == Val.RANDOM ? RANDOM : ERROR, kit.whole(v));
+                    return assignNumber(c.kind == Val.RANDOM ? RANDOM : ERROR, kit.whole(v, 0));
             }
         }
 
@@ -4107,7 +4195,7 @@ public final class GoalHouse {
             if (told[ERROR] > 0) {
                 told[ERROR]--;
                 errorNumber = Val.whole(number);
-                errorValue = number == 4 || number >= 11 ? kit.nul : kit.breakValue;
+                errorValue = number == 4 || number >= 11 ? kit.nul : kit.breakValue.lasting();
                 return true;
             }
             told[BREAK_NUMBER] = number;
@@ -4207,10 +4295,10 @@ public final class GoalHouse {
                     give(f, f.scan.cellOf(Val.POS));
                     break;
                 case 4:
-                    give(f, new Val(Val.RANDOM));
+                    give(f, kit.fixed[Kit.RANDOM]);
                     break;
                 case 5:
-                    give(f, new Val(Val.ERROR));
+                    give(f, kit.fixed[Kit.ERROR]);
                     break;
                 case 6:
                     give(f, errorNumber);
@@ -4219,7 +4307,7 @@ public final class GoalHouse {
                     give(f, errorValue);
                     break;
                 default:
-                    give(f, kit.sets[Math.min(Kit.ALL, key - 8)]);
+                    give(f, kit.fixed[Math.max(0, Math.min(Kit.ALL, key - 8))]);
             }
         }
 
@@ -4459,7 +4547,8 @@ public final class GoalHouse {
                 turnTo(IDLE, c);
                 return;
             }
-            Val v = value(c.res);
+            Val looked = value(c.res, 0);
+            Val v = looked == null ? null : looked.lasting();
             if (v == null) {
                 if (allowed(p.node == null ? c : p, c)) {
                     again(c);
@@ -4812,7 +4901,7 @@ public final class GoalHouse {
                     kit.args[i] = kit.args[at];
                     at++;
                 }
-                kit.vals[i] = r.value(kit.args[i]);
+                kit.vals[i] = r.value(kit.args[i], i);
                 k = k.next;
             }
             f.state = Frame.ONE;
@@ -4890,16 +4979,18 @@ public final class GoalHouse {
             }
             switch (f.node.op) {
                 case DOT:
-                    return gives(f, v);
+                    return gives(f, v.lasting());
                 case SLASH:
                 case BACKSLASH:
                     f.res = kit.args[0];
                     return (v.kind == Val.NULL) == (f.node.op == SLASH) ? GAVE : FAILED;
                 case PLUS:
-                    return gives(f, kit.whole(v));
                 case MINUS:
-                    Val w = kit.whole(v);
-                    return w == null ? BROKE : gives(f, kit.add(Val.whole(0), w, -1));
+                    Val w = kit.whole(v, 0);
+                    if (w == null) {
+                        return BROKE;
+                    }
+                    return gives(f, f.node.op == PLUS ? w.lasting() : kit.add(kit.fixed[Kit.ZERO], w, -1));
                 case TIMES:
                     return sizeOf(r, f, v);
                 case BANG:
@@ -4911,7 +5002,7 @@ public final class GoalHouse {
                 case POWER:
                     return anew(r, f, v);
                 case TILDE:
-                    return others(f, kit.set(v));
+                    return others(f, kit.set(v, 0));
                 default:
                     return tabMatch(f, kit.text(v, 0));
             }
@@ -4947,7 +5038,7 @@ public final class GoalHouse {
             if (!hasParts(v)) {
                 return r.kit.breaks(10, v);
             }
-            f.a = v;
+            f.a = v.lasting();
             f.i = 0;
             return starts(f, EACH);
         }
@@ -5038,11 +5129,11 @@ public final class GoalHouse {
                 case SCAN:
                     return scanning(r, f, kit.vals[0]);
                 case BACKSLASH:
-                    return limit(r, f, kit.whole(kit.vals[0]));
+                    return limit(r, f, kit.whole(kit.vals[0], 0));
                 case TO_SIGN:
-                    Val a = kit.whole(kit.vals[0]);
-                    Val b = a == null ? null : kit.whole(kit.vals[1]);
-                    Val c = b == null || kit.argCount < 3 ? Val.whole(1) : kit.whole(kit.vals[2]);
+                    Val a = kit.whole(kit.vals[0], 0);
+                    Val b = a == null ? null : kit.whole(kit.vals[1], 1);
+                    Val c = b == null || kit.argCount < 3 ? kit.fixed[Kit.ONE] : kit.whole(kit.vals[2], 2);
                     return b == null || c == null ? BROKE : countUp(kit, f, a, b, c);
                 default:
                     return gives(f, kit.args[1]);
@@ -5081,11 +5172,11 @@ public final class GoalHouse {
             if (beyond(kit.compare(a, b), c)) {
                 return FAILED;
             }
-            f.a = b;
-            f.b = c;
+            f.a = b.lasting();
+            f.b = c.lasting();
             f.state = Frame.MORE;
             f.more = COUNT_UP;
-            return gives(f, a);
+            return gives(f, a.lasting());
         }
 
         private static boolean beyond(int order, Val step) {
@@ -5119,31 +5210,31 @@ public final class GoalHouse {
                 }
                 return op == JOIN ? join(r, f, s, t) : compareTexts(r, f, op - TEXTLESS, s, t);
             }
-            if (op == ALIKE || op == UNALIKE || op == UNION || op == WITHOUT || op == BOTH) {
-                if (a == null || b == null) {
-                    return kit.breaks(19, kit.nul);
-                }
-                if (op == ALIKE || op == UNALIKE) {
-                    f.res = b;
-                    return Val.alike(a, b) == (op == ALIKE) ? GAVE : FAILED;
-                }
-                if (a.kind == Val.GROUP && b.kind == Val.GROUP) {
-                    return combineGroups(r, f, op, a.thing, b.thing);
-                }
-                Val s = kit.set(a);
-                Val t = s == null ? null : kit.set(b);
-                return t == null ? BROKE : combineSets(f, op, s, t);
+            if (op == ALIKE || op == UNALIKE) {
+                return compareValues(kit, f, op);
             }
-            Val v = kit.whole(a);
-            Val w = v == null ? null : kit.whole(b);
+            if (op == UNION || op == WITHOUT || op == BOTH) {
+                boolean group = a != null && a.kind == Val.GROUP;
+                return group && b != null && b.kind == Val.GROUP ? combineGroups(r, f, op, a.thing, b.thing) : combineSets(kit, f, op);
+            }
+            Val v = kit.whole(a, 0);
+            Val w = v == null ? null : kit.whole(b, 1);
             if (w == null) {
                 return BROKE;
             }
             if (op >= LESS && op < TEXTLESS) {
-                f.res = w;
-                return holds(op - LESS, kit.compare(v, w)) ? GAVE : FAILED;
+                return holds(op - LESS, kit.compare(v, w)) ? gives(f, w.lasting()) : FAILED;
             }
             return op == POWER ? power(kit, f, v, w) : reckon(kit, f, op, v, w);
+        }
+
+        private static int compareValues(Kit kit, Frame f, int op) {
+            Val a = kit.vals[0];
+            Val b = kit.vals[1];
+            if (a == null || b == null) {
+                return kit.breaks(19, kit.nul);
+            }
+            return Val.alike(a, b) == (op == ALIKE) ? gives(f, b.lasting()) : FAILED;
         }
 
         /** By the order of the signs: below, not above, the same, not below, above, another one. */
@@ -5196,23 +5287,27 @@ public final class GoalHouse {
             if (Kit.signOf(w) < 0) {
                 return FAILED;
             }
-            Val to = Val.whole(1);
+            boolean odd = ((w.big == null ? w.num : w.big[0]) & 1) != 0;
+            boolean far = w.big != null || w.num > 200;
             if (v.big == null && v.num >= -1 && v.num <= 1) {
-                to = Kit.signOf(w) > 0 ? v : to;
-                if (v.num < 0 && ((w.big == null ? w.num : w.big[0]) & 1) == 0) {
-                    to = Val.whole(1);
-                }
-            } else if (w.big != null || w.num > 200) {
-                to = null;
-            } else {
-                for (int i = 0; i < w.num && to != null; i++) {
-                    to = kit.times(to, v);
-                }
+                return givesWhole(f, Kit.signOf(w) == 0 || v.num < 0 && !odd ? 1 : v.num);
             }
+            Val to = far ? null : kit.power(v, (int) w.num);
             return to == null ? kit.breaks(12, kit.nul) : gives(f, to);
         }
 
-        private static int combineSets(Frame f, int op, Val s, Val t) {
+        /** The left one is looked at first; if it is a group it is wrong only when the right one is none. */
+        private static int combineSets(Kit kit, Frame f, int op) {
+            Val a = kit.vals[0];
+            Val b = kit.vals[1];
+            if (a == null || a.kind == Val.GROUP && b == null) {
+                return kit.breaks(19, kit.nul);
+            }
+            Val s = kit.set(a, 0);
+            Val t = s == null ? null : kit.set(b, 1);
+            if (t == null) {
+                return BROKE;
+            }
             Val to = Kit.emptySet();
             for (int i = 0; i < 4; i++) {
                 long x = s.bits[i];
@@ -5274,7 +5369,7 @@ public final class GoalHouse {
             }
             int code = r.assign(a, v);
             if (code == GAVE && reversible) {
-                f.a = old;
+                f.a = old.lasting();
                 f.state = Frame.MORE;
                 f.more = PUT_BACK;
             }
@@ -5302,8 +5397,8 @@ public final class GoalHouse {
                 code = r.assign(b, v);
             }
             if (code == GAVE && f.node.op == SWAPBACK) {
-                f.a = v;
-                f.b = w;
+                f.a = v.lasting();
+                f.b = w.lasting();
                 f.state = Frame.MORE;
                 f.more = PUT_BOTH_BACK;
             }
@@ -5327,7 +5422,7 @@ public final class GoalHouse {
             if (!row && t == null) {
                 return kit.breaks(10, x);
             }
-            Val w = kit.whole(kit.vals[1]);
+            Val w = kit.whole(kit.vals[1], 0);
             if (w == null) {
                 return BROKE;
             }
@@ -5350,7 +5445,7 @@ public final class GoalHouse {
             }
             Val c = new Val(Val.COMING);
             c.thing = t;
-            c.in = key;
+            c.in = key.lasting();
             return gives(f, c);
         }
 
@@ -5361,7 +5456,7 @@ public final class GoalHouse {
             int n = Math.abs(to - from);
             boolean section = cell.kind == Val.CELL || cell.kind == Val.COMING || cell.kind == Val.SECTION;
             if (x.kind != Val.TEXT || !section) {
-                Val m = r.madeOf(x, t);
+                Val m = x.kind == Val.TEXT ? x : r.madeOf(x, t);
                 return m == null ? BROKE : gives(f, Val.text(m.bytes, m.off + low - 1, n));
             }
             Val s = new Val(Val.SECTION);
@@ -5382,8 +5477,8 @@ public final class GoalHouse {
             if (!list && t == null) {
                 return kit.breaks(10, x);
             }
-            Val i = kit.whole(kit.vals[1]);
-            Val j = i == null ? null : kit.whole(kit.vals[2]);
+            Val i = kit.whole(kit.vals[1], 0);
+            Val j = i == null ? null : kit.whole(kit.vals[2], 1);
             if (j == null) {
                 return BROKE;
             }
@@ -5444,7 +5539,7 @@ public final class GoalHouse {
             }
             Thing l = Thing.row(Val.LIST, n);
             for (int i = 0; i < n; i++) {
-                l.addRight(Val.cell(kit.vals[i]));
+                l.addRight(Val.cell(kit.vals[i].lasting()));
             }
             return gives(f, r.keep(l, n).self);
         }
@@ -5533,7 +5628,7 @@ public final class GoalHouse {
                 return FAILED;
             }
             Val v = kit.vals[(int) k];
-            return v == null ? kit.breaks(19, kit.nul) : gives(f, v);
+            return v == null ? kit.breaks(19, kit.nul) : gives(f, v.lasting());
         }
 
         static int callSource(Run r, Frame f) {
@@ -5555,13 +5650,13 @@ public final class GoalHouse {
             }
             Val[] cells = new Val[n];
             for (int i = 0; i < n; i++) {
-                cells[i] = Val.cell(i < used ? kit.vals[i + 1] : kit.nul);
+                cells[i] = Val.cell(i < used ? kit.vals[i + 1].lasting() : kit.nul);
             }
             r.take(n);
             if (p.rest && own >= 0 && own < n) {
                 Thing l = Thing.row(Val.LIST, more);
                 for (int i = 0; i < more; i++) {
-                    l.addRight(Val.cell(kit.vals[1 + own + i]));
+                    l.addRight(Val.cell(kit.vals[1 + own + i].lasting()));
                 }
                 cells[own].in = r.keep(l, more).self;
             }
@@ -5585,7 +5680,7 @@ public final class GoalHouse {
             Thing t = Thing.row(Val.RECORD, n);
             t.maker = p;
             for (int i = 0; i < n; i++) {
-                t.addRight(Val.cell(i < used ? kit.vals[i + 1] : kit.nul));
+                t.addRight(Val.cell(i < used ? kit.vals[i + 1].lasting() : kit.nul));
             }
             return gives(f, r.keep(t, n).self);
         }
@@ -5652,11 +5747,11 @@ public final class GoalHouse {
                     }
                     return FAILED;
                 case UP_TO:
-                    return nextByte(f);
+                    return givesPlace(f, nextByte(r.kit, f));
                 case FIND:
-                    return nextText(f);
+                    return givesPlace(f, nextText(r.kit, f));
                 case BALANCED:
-                    return nextBalanced(f);
+                    return givesPlace(f, nextBalanced(r.kit, f));
                 case SEQUENCE:
                     Val m = r.kit.add(f.res, f.b, 1);
                     return m == null ? r.kit.breaks(12, r.kit.nul) : gives(f, m);
@@ -5683,38 +5778,55 @@ public final class GoalHouse {
             return FAILED;
         }
 
-        private static int nextByte(Frame f) {
-            for (long p = f.i; p < f.j; p++) {
-                if (f.b.has(f.a.at((int) p - 1))) {
-                    f.i = p + 1;
-                    return givesWhole(f, p);
-                }
+        /** Gives a place, if there is one; what it was looked for in is kept from now on as the values that were told. */
+        private static int givesPlace(Frame f, int p) {
+            if (p < 1) {
+                return FAILED;
             }
-            return FAILED;
+            f.i = p + 1L;
+            f.a = f.a.lasting();
+            f.b = f.b.lasting();
+            f.c = f.c.lasting();
+            f.d = f.d.lasting();
+            return givesWhole(f, p);
         }
 
-        private static int nextText(Frame f) {
-            for (long p = f.i; p + f.b.len <= f.j; p++) {
-                if (standsAt(f.a, (int) p - 1, f.b, (int) f.j - 1)) {
-                    f.i = p + 1;
-                    return givesWhole(f, p);
+        private static int nextByte(Kit kit, Frame f) {
+            Val s = kit.text(f.a, 0);
+            Val c = kit.set(f.b, 0);
+            for (int p = (int) f.i; p < f.j && s != null && c != null; p++) {
+                if (c.has(s.at(p - 1))) {
+                    return p;
                 }
             }
-            return FAILED;
+            return 0;
         }
 
-        /** f.b has three sets one behind the other. */
-        private static int nextBalanced(Frame f) {
-            for (long p = f.i; p < f.j && f.n >= 0; p++) {
-                int c = f.a.at((int) p - 1);
-                boolean here = f.n == 0 && f.b.has(c);
-                f.n += (f.b.has(c + 256) ? 1 : 0) - (f.b.has(c + 512) ? 1 : 0);
+        private static int nextText(Kit kit, Frame f) {
+            Val s = kit.text(f.a, 0);
+            Val t = kit.text(f.b, 1);
+            for (int p = (int) f.i; s != null && t != null && p + t.len <= f.j; p++) {
+                if (standsAt(s, p - 1, t, (int) f.j - 1)) {
+                    return p;
+                }
+            }
+            return 0;
+        }
+
+        private static int nextBalanced(Kit kit, Frame f) {
+            Val s = kit.text(f.a, 0);
+            Val c = kit.set(f.b, 0);
+            Val o = kit.set(f.c, 1);
+            Val q = kit.set(f.d, 2);
+            for (int p = (int) f.i; p < f.j && f.n >= 0 && s != null && c != null && o != null && q != null; p++) {
+                int b = s.at(p - 1);
+                boolean here = f.n == 0 && c.has(b);
+                f.n += (o.has(b) ? 1 : 0) - (q.has(b) ? 1 : 0);
                 if (here) {
-                    f.i = p + 1;
-                    return givesWhole(f, p);
+                    return p;
                 }
             }
-            return FAILED;
+            return 0;
         }
 
         // ---- texts that are scanned
@@ -5722,83 +5834,61 @@ public final class GoalHouse {
         static int scan(Run r, Frame f) {
             Kit kit = r.kit;
             int id = kit.called.proc.index;
-            int code;
-            switch (id) {
-                case ANY:
-                case MANY:
-                case UPTO:
-                    Val c = kit.set(kit.given(0, kit.nul));
-                    code = c == null ? BROKE : range(r, f, 1);
-                    return code == GAVE ? scanFor(kit, f, id, c) : code;
-                case MATCH:
-                case FIND_TEXT:
-                    Val t = kit.text(kit.given(0, kit.nul), 1);
-                    code = t == null ? BROKE : range(r, f, 1);
-                    return code == GAVE ? scanText(kit, f, id, t) : code;
-                case BAL:
-                    code = threeSets(kit, f) ? range(r, f, 3) : BROKE;
-                    f.a = code == GAVE ? kit.lasting(f.a) : f.a;
-                    return code == GAVE ? starts(f, BALANCED) : code;
-                default:
-                    return scanTo(f, id, kit.whole(kit.given(0, kit.nul)));
+            Val first = kit.given(0, id == BAL ? kit.fixed[Kit.ALL] : kit.nul);
+            if (id > BAL) {
+                return scanTo(f, id, kit.whole(first, 0));
             }
+            boolean text = id == MATCH || id == FIND_TEXT;
+            if (text ? kit.text(first, 1) == null : kit.set(first, 0) == null) {
+                return BROKE;
+            }
+            f.b = first;
+            f.c = id == BAL ? kit.given(1, kit.fixed[Kit.OPENING]) : kit.nul;
+            f.d = id == BAL ? kit.given(2, kit.fixed[Kit.CLOSING]) : kit.nul;
+            if (id == BAL && (kit.set(f.c, 1) == null || kit.set(f.d, 2) == null)) {
+                return BROKE;
+            }
+            int code = range(kit, f, id == BAL ? 3 : 1);
+            return code == GAVE ? scanFor(kit, f, id) : code;
         }
 
         /** Puts s, i and j, which begin at argument k, into f: GAVE, FAILED or BROKE. */
-        private static int range(Run r, Frame f, int k) {
-            Kit kit = r.kit;
-            boolean own = kit.lacks(k);
-            Val s = kit.text(kit.given(k, f.scan.subject), 0);
-            Val i = s == null ? null : kit.whole(kit.given(k + 1, Val.whole(own ? f.scan.pos : 1)));
-            Val j = i == null ? null : kit.whole(kit.given(k + 2, Val.whole(0)));
+        private static int range(Kit kit, Frame f, int k) {
+            f.a = kit.given(k, f.scan.subject);
+            Val s = kit.text(f.a, 0);
+            Val i = s == null ? null : kit.whole(kit.given(k + 1, kit.fixed[Kit.ONE]), 0);
+            Val j = i == null ? null : kit.whole(kit.given(k + 2, kit.fixed[Kit.ZERO]), 1);
             if (j == null) {
                 return BROKE;
             }
-            int from = Run.placeIn(Kit.near(i), s.len);
+            boolean atPos = kit.lacks(k) && kit.lacks(k + 1);
+            int from = atPos ? f.scan.pos : Run.placeIn(Kit.near(i), s.len);
             int to = Run.placeIn(Kit.near(j), s.len);
-            f.a = s;
             f.i = Math.min(from, to);
             f.j = Math.max(from, to);
             return f.i < 1 ? FAILED : GAVE;
         }
 
-        private static int scanFor(Kit kit, Frame f, int id, Val c) {
-            if (id == UPTO) {
-                f.a = kit.lasting(f.a);
-                f.b = c;
-                return starts(f, UP_TO);
+        private static int scanFor(Kit kit, Frame f, int id) {
+            f.n = 0;
+            if (id == UPTO || id == FIND_TEXT) {
+                return starts(f, id == UPTO ? UP_TO : FIND);
             }
-            long p = f.i;
-            for (int g = 0; g < LOOPS && p < f.j && c.has(f.a.at((int) p - 1)) && (g == 0 || id == MANY); g++) {
+            if (id == BAL) {
+                return starts(f, BALANCED);
+            }
+            Val s = kit.text(f.a, 0);
+            if (id == MATCH) {
+                Val t = kit.text(f.b, 1);
+                boolean there = s != null && t != null && standsAt(s, (int) f.i - 1, t, (int) f.j - 1);
+                return there ? givesWhole(f, f.i + t.len) : FAILED;
+            }
+            Val c = kit.set(f.b, 0);
+            int p = (int) f.i;
+            for (int g = 0; g < LOOPS && s != null && c != null && p < f.j && c.has(s.at(p - 1)) && (g == 0 || id == MANY); g++) {
                 p++;
             }
             return p > f.i ? givesWhole(f, p) : FAILED;
-        }
-
-        private static int scanText(Kit kit, Frame f, int id, Val t) {
-            if (id == FIND_TEXT) {
-                f.a = kit.lasting(f.a);
-                f.b = kit.lasting(t);
-                return starts(f, FIND);
-            }
-            return standsAt(f.a, (int) f.i - 1, t, (int) f.j - 1) ? givesWhole(f, f.i + t.len) : FAILED;
-        }
-
-        /** Puts the three sets of bal() into f, one behind the other. */
-        private static boolean threeSets(Kit kit, Frame f) {
-            Val c = kit.set(kit.given(0, kit.sets[Kit.ALL]));
-            Val o = c == null ? null : kit.set(kit.given(1, kit.sets[Kit.OPENING]));
-            Val q = o == null ? null : kit.set(kit.given(2, kit.sets[Kit.CLOSING]));
-            if (q == null) {
-                return false;
-            }
-            f.n = 0;
-            f.b = new Val(Val.SET);
-            f.b.bits = new long[12];
-            System.arraycopy(c.bits, 0, f.b.bits, 0, 4);
-            System.arraycopy(o.bits, 0, f.b.bits, 4, 4);
-            System.arraycopy(q.bits, 0, f.b.bits, 8, 4);
-            return true;
         }
 
         private static int scanTo(Frame f, int id, Val w) {
@@ -5844,7 +5934,7 @@ public final class GoalHouse {
             if (id != WRITES) {
                 putOut(r, 10);
             }
-            f.res = n < 2 ? kit.nul : kit.vals[n - 1];
+            f.res = n < 2 ? kit.nul : kit.vals[n - 1].lasting();
             if (id != STOP) {
                 return GAVE;
             }
@@ -5907,18 +5997,18 @@ public final class GoalHouse {
                     }
                     return gives(f, madeOfBytes(r, kit.image, kit.imageSize));
                 case TYPE:
-                    return gives(f, typeOf(v));
+                    return gives(f, typeOf(kit, v));
                 case COPY:
                     return copy(r, f, v);
                 case WHOLE:
-                    Val w = kit.whole(v);
-                    return w == null ? FAILED : gives(f, w);
+                    Val w = kit.whole(v, 0);
+                    return w == null ? FAILED : gives(f, w.lasting());
                 case TEXT:
                     Val t = kit.asText(v, 0);
                     return t == null ? FAILED : gives(f, r.madeOf(v, t));
                 case SET:
-                    Val s = kit.set(v);
-                    return s == null ? FAILED : gives(f, s);
+                    Val s = kit.set(v, 0);
+                    return s == null ? FAILED : gives(f, s.lasting());
                 default:
                     return v.thing == null ? FAILED : givesWhole(f, v.thing.number);
             }
@@ -5932,38 +6022,21 @@ public final class GoalHouse {
             return t;
         }
 
-        private static Val typeOf(Val v) {
-            String s;
-            switch (v.kind) {
-                case Val.NULL:
-                    s = "null";
-                    break;
-                case Val.WHOLE:
-                    s = "whole";
-                    break;
-                case Val.TEXT:
-                    s = "text";
-                    break;
-                case Val.SET:
-                    s = "set";
-                    break;
-                case Val.PROC:
-                    s = "procedure";
-                    break;
-                default:
-                    s = v.thing == null ? "" : Kit.typeOf(v.thing);
+        private static Val typeOf(Kit kit, Val v) {
+            Proc maker = v.thing == null ? null : v.thing.maker;
+            if (maker == null) {
+                return kit.fixed[Kit.KINDS + v.kind];
             }
-            byte[] b = new byte[s.length()];
-            for (int i = 0; i < b.length; i++) {
-                b[i] = (byte) s.charAt(i);
+            if (maker.word == null) {
+                maker.word = Val.word(maker.name);
             }
-            return Val.text(b, 0, b.length);
+            return maker.word;
         }
 
         private static int copy(Run r, Frame f, Val v) {
             Thing from = v.thing;
             if (from == null || v.kind == Val.PART) {
-                return gives(f, v);
+                return gives(f, v.lasting());
             }
             int n = from.size;
             if (!r.room(1, n)) {
@@ -5993,7 +6066,7 @@ public final class GoalHouse {
             int id = kit.called.proc.index;
             switch (id) {
                 case LIST:
-                    return listOf(r, f, kit.whole(kit.given(0, Val.whole(0))));
+                    return listOf(r, f, kit.whole(kit.given(0, kit.fixed[Kit.ZERO]), 0));
                 case GROUP:
                     return groupOf(r, f);
                 case TABLE:
@@ -6026,8 +6099,9 @@ public final class GoalHouse {
                 return BROKE;
             }
             Thing t = Thing.row(Val.LIST, n);
+            Val each = x.lasting();
             for (int i = 0; i < n; i++) {
-                t.addRight(Val.cell(x));
+                t.addRight(Val.cell(each));
             }
             return gives(f, r.keep(t, n).self);
         }
@@ -6056,7 +6130,7 @@ public final class GoalHouse {
                 return BROKE;
             }
             Thing t = Thing.make(Val.TABLE);
-            t.other = other;
+            t.other = other.lasting();
             return gives(f, r.keep(t, 0).self);
         }
 
@@ -6071,7 +6145,7 @@ public final class GoalHouse {
             }
             r.take(n);
             for (int i = 1; i <= n; i++) {
-                Val c = Val.cell(kit.given(i, kit.nul));
+                Val c = Val.cell(kit.given(i, kit.nul).lasting());
                 if (id == PUT) {
                     l.addRight(c);
                 } else {
@@ -6104,17 +6178,17 @@ public final class GoalHouse {
             }
             Thing t = x.thing;
             int slot = t.find(k);
-            f.res = id == MEMBER ? k : x;
             if (id == MEMBER) {
-                return slot < 0 ? FAILED : GAVE;
+                return slot < 0 ? FAILED : gives(f, k.lasting());
             }
+            f.res = x;
             if (id == DELETE) {
                 t.remove(slot);
                 return GAVE;
             }
             if (slot >= 0) {
                 if (x.kind == Val.TABLE) {
-                    t.items[slot].in = v;
+                    t.items[slot].in = v.lasting();
                 }
                 return GAVE;
             }
@@ -6123,7 +6197,7 @@ public final class GoalHouse {
             }
             r.take(1);
             t.makeRoom();
-            t.add(k, x.kind == Val.TABLE ? Val.cell(v) : null);
+            t.add(k.lasting(), x.kind == Val.TABLE ? Val.cell(v.lasting()) : null);
             return GAVE;
         }
 
@@ -6226,7 +6300,7 @@ public final class GoalHouse {
                 case MAP:
                     return map(r, f, kit.text(kit.given(0, kit.nul), 0));
                 case CHAR:
-                    return character(r, f, kit.whole(kit.given(0, kit.nul)));
+                    return character(r, f, kit.whole(kit.given(0, kit.nul), 0));
                 default:
                     Val s = kit.text(kit.given(0, kit.nul), 0);
                     if (s == null) {
@@ -6238,7 +6312,7 @@ public final class GoalHouse {
 
         private static int fit(Run r, Frame f, int id, Val s) {
             Kit kit = r.kit;
-            Val w = s == null ? null : kit.whole(kit.given(1, Val.whole(1)));
+            Val w = s == null ? null : kit.whole(kit.given(1, kit.fixed[Kit.ONE]), 0);
             Val p = w == null ? null : kit.text(kit.given(2, kit.singles[32]), 1);
             if (p == null) {
                 return BROKE;
@@ -6270,9 +6344,10 @@ public final class GoalHouse {
 
         private static int trim(Run r, Frame f, Val s) {
             Kit kit = r.kit;
-            Val c = s == null ? null : kit.set(kit.given(1, kit.sets[Kit.BLANK]));
-            Val m = c == null ? null : r.madeOf(kit.given(0, kit.nul), s);
-            if (m == null) {
+            Val c = s == null ? null : kit.set(kit.given(1, kit.fixed[Kit.BLANK]), 0);
+            Val told = kit.given(0, kit.nul);
+            Val m = c == null || told.kind == Val.TEXT ? s : r.madeOf(told, s);
+            if (c == null || m == null) {
                 return BROKE;
             }
             int n = m.len;
@@ -6284,7 +6359,7 @@ public final class GoalHouse {
 
         private static int repeat(Run r, Frame f, Val s) {
             Kit kit = r.kit;
-            Val w = s == null ? null : kit.whole(kit.given(1, kit.nul));
+            Val w = s == null ? null : kit.whole(kit.given(1, kit.nul), 0);
             if (w == null) {
                 return BROKE;
             }
@@ -6329,8 +6404,8 @@ public final class GoalHouse {
 
         private static int map(Run r, Frame f, Val s) {
             Kit kit = r.kit;
-            Val from = s == null ? null : kit.text(kit.given(1, kit.asText(kit.sets[Kit.UPPER], 1)), 1);
-            Val to = from == null ? null : kit.text(kit.given(2, kit.asText(kit.sets[Kit.LOWER], 2)), 2);
+            Val from = s == null ? null : kit.text(kit.given(1, kit.asText(kit.fixed[Kit.UPPER], 1)), 1);
+            Val to = from == null ? null : kit.text(kit.given(2, kit.asText(kit.fixed[Kit.LOWER], 2)), 2);
             if (to == null) {
                 return BROKE;
             }
@@ -6370,24 +6445,24 @@ public final class GoalHouse {
         static int numbers(Run r, Frame f) {
             Kit kit = r.kit;
             int id = kit.called.proc.index;
-            Val a = kit.whole(kit.given(0, id == SEQ ? Val.whole(1) : kit.nul));
+            Val a = kit.whole(kit.given(0, id == SEQ ? kit.fixed[Kit.ONE] : kit.nul), 0);
             if (a == null) {
                 return BROKE;
             }
             switch (id) {
                 case SEQ:
-                    Val k = kit.whole(kit.given(1, Val.whole(1)));
+                    Val k = kit.whole(kit.given(1, kit.fixed[Kit.ONE]), 1);
                     if (k == null) {
                         return BROKE;
                     }
-                    f.b = k;
+                    f.b = k.lasting();
                     f.state = Frame.MORE;
                     f.more = SEQUENCE;
-                    return gives(f, a);
+                    return gives(f, a.lasting());
                 case ABS:
-                    return gives(f, Kit.signOf(a) < 0 ? kit.add(Val.whole(0), a, -1) : a);
+                    return gives(f, Kit.signOf(a) < 0 ? kit.add(kit.fixed[Kit.ZERO], a, -1) : a.lasting());
                 case GCD:
-                    Val b = kit.whole(kit.given(1, kit.nul));
+                    Val b = kit.whole(kit.given(1, kit.nul), 1);
                     return b == null ? BROKE : gives(f, kit.gcd(a, b));
                 default:
                     return givesWhole(f, kit.digitSum(a));
@@ -6396,13 +6471,19 @@ public final class GoalHouse {
 
         static int extreme(Kit kit, Frame f) {
             int way = kit.called.proc.index == MIN ? -1 : 1;
-            kit.clearBest();
+            Val best = null;
+            int place = 0;
             for (int i = 0; i < Math.max(1, kit.argCount - 1); i++) {
-                if (!kit.better(kit.given(i, kit.nul), way, i == 0)) {
+                Val w = kit.whole(kit.given(i, kit.nul), place);
+                if (w == null) {
                     return BROKE;
                 }
+                if (best == null || kit.compare(w, best) * way > 0) {
+                    best = w;
+                    place = 1 - place;
+                }
             }
-            return gives(f, kit.best());
+            return best == null ? FAILED : gives(f, best.lasting());
         }
     }
 }
