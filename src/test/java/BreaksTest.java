@@ -259,12 +259,12 @@ public final class BreaksTest extends Check {
             due(more + ": cells stay", x.told(0, 6), 0);
         }
         // 14 and 15 are asked when all else is right, 15 first.
-        String full = "procedure main();every 1 to 987 do [];every 1 to 12 do list(500);t := table();";
-        x = whole(full.replace("t := table()", "table()") + "list(501);end");
+        String full = "procedure main();every 1 to 987 do [];every 1 to 12 do list(500);table();";
+        x = whole(full + "list(501);end");
         due("20 ahead of 15", x.told(0, 3), 20);
-        x = whole(full.replace("t := table()", "table()") + "list(1);end");
+        x = whole(full + "list(1);end");
         due("15 ahead of 14", x.told(0, 3), 15);
-        x = whole(full.replace("t := table()", "table()") + "[] ||| 1;end");
+        x = whole(full + "[] ||| 1;end");
         due("15 of what is begun first", x.told(0, 3), 15);
         x = whole("procedure f(a);return f(1);end;procedure main();every 1 to 11 do list(500);list(441);f(1);end");
         due("16 ahead of 14", x.told(0, 3), 16);

@@ -529,7 +529,7 @@ public final class SourcesTest extends Check {
         writtenAs("a[b & c]", "a[b & c]");
         writtenAs("a[if b then c : d]", "a[if b then c : d]");
         writtenAs("a[b-:c]", "a[b -: c]");
-        writtenAs("f((a; b))".replace("(a; b)", "{a;b}"), "f({ a; b })");
+        writtenAs("f({a;b})", "f({ a; b })");
         writtenAs("{a}(b)", "{ a }(b)");
         writtenAs("{a}+[b]", "{ a } + [b]");
         writtenAs("[a,b](c)", "[a, b](c)");
@@ -539,7 +539,7 @@ public final class SourcesTest extends Check {
         writtenAs("(if a then b)[c]", "(if a then b)[c]");
         writtenAs("(return).x", "(return).x");
         writtenAs("a + (if b then c)", "a + (if b then c)");
-        writtenAs("a + if b then c + d", "a + (if b then (c + d))".replace("(c + d)", "c + d"));
+        writtenAs("a + if b then c + d", "a + (if b then c + d)");
         writtenAs("-if a then b", "-(if a then b)");
         writtenAs("a := create b", "a := (create b)");
         writtenAs("a & fail", "a & (fail)");
@@ -549,7 +549,7 @@ public final class SourcesTest extends Check {
         writtenAs("if a := b then c & d", "if a := b then c & d");
         writtenAs("case if a then b of { c & d : return e; default : f }", "case (if a then b) of { c & d : (return e); default : f }");
         writtenAs("case a of {}", "case a of { }");
-        writtenAs("create (a, b)".replace("(a, b)", "[a, b]"), "create [a, b]");
+        writtenAs("create [a,b]", "create [a, b]");
         writtenAs("return (a)", "return a");
         writtenAs("suspend (a) do (b)", "suspend a do b");
         writtenAs("suspend if a then b do c", "suspend (if a then b) do c");
