@@ -78,7 +78,7 @@ public class Check {
         return n < 0 ? "" + n : shown(x);
     }
 
-    /** A house with a run of main with this body, ended, cut after 4000 steps or broken. */
+    /** A house with a run of main with this body, ended, broken, or cut after 32000 steps. */
     public static GoalHouse body(String body) {
         return whole("procedure main();\n" + body + "\n;end");
     }
@@ -96,7 +96,9 @@ public class Check {
         }
         feed(x, input);
         x.run(0, 1);
-        x.step(0, 4000);
+        for (int i = 0; i < 8 && x.step(0, 4000) == 1; i++) {
+            // It goes on, within the steps that a house has.
+        }
         return x;
     }
 

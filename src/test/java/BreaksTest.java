@@ -180,6 +180,9 @@ public final class BreaksTest extends Check {
         made("&error := 1; y := table(repl(\"z\", 300)); y[1][1:1] ||:= repl(\"x\", 250)", 300 + 250 + 250);
         String full = "x := repl(\"a\", 500); every 1 to 199 do repl(x, 1); writes(1); x[1:1] := \"\"; writes(2)";
         GoalHouse x = body(full);
+        GoalHouse last = body("s := repl(\"ab\", 125); every 1 to 199 do repl(\"x\", 500); t := s || \"\"; write(t[-1], *t, t == s)");
+        due("the last byte of 100000", out(last, 0), "b250" + many("ab", 125) + "\n");
+        due("made", last.told(0, 7), 100000);
         due("100000 are not too many", out(x, 0), "1");
         due("100500 are", x.told(0, 3), 13);
         due("made", x.told(0, 7), 100000);
@@ -249,6 +252,39 @@ public final class BreaksTest extends Check {
             due(none + " with 6000 cells", x.told(0, 3), 0);
             due(none + ": ended", x.told(0, 0), 0);
         }
+        // As many as there is room for.
+        String[] fits = {"list(1)", "1", "[1]", "1", "put(x, 1)", "1", "push(x)", "1", "x ||| []", "1", "x[1:2]", "1", "create 1", "1", "insert(g, 1)", "1", "t[1] := 2", "1", "t[1] :=: x[1]", "1", "t[1] <- 5", "1",
+            "insert(t, 1)", "1", "f()", "1", "r()", "1", "copy(x)", "1", "sort(x)", "1", "reverse(x)", "1", "group(x)", "1", "x |||:= []", "1", "h()", "1", "h(1)", "2", "put(x, 1, 2)", "2", "p ||| x", "3", "p[1:3]", "2",
+            "group(p)", "2", "sort(p)", "2", "^c", "1", "copy(u)", "1", "sort(u)", "3"};
+        for (int i = 0; i < fits.length; i += 2) {
+            int want = Integer.parseInt(fits[i + 1]);
+            for (int room = want - 1; room <= want; room++) {
+                x = whole("global x, g, t, p, c, u;record r(a);procedure f(a);end;procedure h(a[]);end;procedure main();x := [1];p := [1, 2];t := table();u := table();u[1] := 1;g := group();local_ := 1;c := create 1;"
+                    + "every 1 to 11 do list(500);list(" + (494 - room) + ");every " + fits[i] + ";end");
+                due(fits[i] + " with room for " + room, x.told(0, 3), room < want ? 14 : 0);
+                due(fits[i] + " cells", x.told(0, 6), room < want ? 6000 - room : 6000);
+            }
+        }
+        String[] ones = {"[]", "list(500)", "table()", "group()", "create 1", "x ||| x", "copy(x)", "sort(x)", "reverse(x)", "r()", "x[1:1]", "h()", "g ++ g", "^c", "copy(g)", "copy(t)", "group(x)"};
+        for (String one : ones) {
+            for (int things = 999; things <= 1000; things++) {
+                x = whole("global x, g, t, c;record r(a);procedure h(a[]);end;procedure main();g := group();t := table();x := [];c := create 1;every 1 to " + (things - 4) + " do [];every " + one + ";end");
+                due(one + " with " + things + " things", x.told(0, 3), things == 1000 ? 15 : 0);
+                due(one + ": things", x.told(0, 5), 1000);
+            }
+        }
+        for (String none : new String[] {"t[1] := 2", "insert(t, 1)", "insert(g, 1)", "put(x, 1)", "push(x)", "f()", "t[1] <- 2", "copy(c)", "delete(g, 1)"}) {
+            x = whole("global x, g, t, c;procedure f(a);end;procedure main();g := group();t := table();x := [];c := create 1;every 1 to 996 do [];every " + none + ";end");
+            due(none + " with 1000 things", x.told(0, 3), 0);
+        }
+        x = body("t := table(); t[1] := 1; t[2] := 2; every 1 to 996 do []; sort(t)");
+        due("three lists fit", x.told(0, 3), 0);
+        due("things then", x.told(0, 5), 1000);
+        x = body("t := table(); t[1] := 1; t[2] := 2; every 1 to 997 do []; sort(t)");
+        due("one of three lacks", x.told(0, 3), 15);
+        due("none is made", x.told(0, 5), 998);
+        x = body("t := table(); t[1] := 1; t[2] := 2; every 1 to 997 do []; &error := 1; sort(t) | write(&number); every 1 to 2 do []; write(1)");
+        due("two of three", out(x, 0), "15\n1\n");
         x = body("every 1 to 1000 do []");
         due("1000 things", x.told(0, 5), 1000);
         due("are not too many", x.told(0, 0), 0);

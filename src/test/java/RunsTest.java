@@ -115,6 +115,10 @@ public final class RunsTest extends Check {
             due("step", y.step(0, 1), 0);
             due("no step was needed", y.told(0, 1), 0);
         }
+        GoalHouse m = whole("procedure main(q[]);put(q, 5);write(*q, q[1]);end");
+        due("main's list of [ ]", out(m, 0), "15\n");
+        due("its thing", m.told(0, 5), 1);
+        due("its cells", m.told(0, 6), 2);
         GoalHouse z = whole("procedure main();writes(*&letters, &digits, &lower, &upper, *&all);end");
         due("&letters ..", out(z, 0), "520123456789abcdefghijklmnopqrstuvwxyzABCDEFGHIJKLMNOPQRSTUVWXYZ256");
     }
