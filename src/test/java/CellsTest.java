@@ -137,6 +137,12 @@ public final class CellsTest extends Check {
         gives("(create 1)[1]", "break 10 at 10");
         gives(STALE + "[[]]", "break 19 at " + STALE.length());
         gives("table()[1:2]", "break 10 at 7");
+        gives(STALE + "[1:2]", "break 19 at " + STALE.length());
+        gives(STALE + "[[]:[]]", "break 19 at " + STALE.length());
+        gives("\"abc\"[" + STALE + ":[]]", "break 19 at 5");
+        gives("\"abc\"[1:" + STALE + "]", "break 19 at 5");
+        gives("[" + STALE + "]", "break 19 at 0");
+        gives("[1, " + STALE + "]", "break 19 at 0");
         gives("group()[1:2]", "break 10 at 7");
         gives("&null[1:2]", "break 10 at 5");
         gives("main[[]:2]", "break 10 at 4");

@@ -81,7 +81,8 @@ public final class LibraryTest extends Check {
         bad("pos(\"x\")", 1);
         bad("tab(" + STALE + ")", 19);
         gives("\"abcd\" ? { &pos := 4; (tab(2) & (&subject := \"x\") & &fail) | &pos }", "1 .");
-        gives("\"abcd\" ? { &pos := 2; (tab(4) & (&subject := \"x\") & (&pos := 2) & &fail) | &pos }", "2 .");
+        gives("\"abcd\" ? { &pos := 2; (tab(4) & (&subject := \"x\") & &fail) | &pos }", "2 .");
+        gives("\"abcd\" ? { &pos := 3; (tab(4) & (&subject := \"x\") & (&pos := 2) & &fail) | &pos }", "2 .");
     }
 
     private static void outAndIn() {
@@ -161,6 +162,8 @@ public final class LibraryTest extends Check {
             bad(f + "(" + STALE + ")", 19);
         }
         bad("put([], 1, " + STALE + ")", 19);
+        bad("put([], " + STALE + ")", 19);
+        bad("push([], " + STALE + ")", 19);
         bad("put(1, " + STALE + ")", 5);
         gives("(l := [1]) & ((&error := 1) & put(l, 2, " + STALE + ") | *l)", "1 .");
         writes("l := []; every put(l, 1 to 40); every 1 to 30 do get(l); every push(l, 1 to 30); writes(*l, \" \", l[1], \" \", l[30], \" \", l[31], \" \", l[40])", "40 30 1 31 40");
@@ -202,6 +205,7 @@ public final class LibraryTest extends Check {
         gives("!sort([\"a\", 'ab', 'ba', \"a\"])", "\"a\" \"a\" 'ab' 'ab' .");
         gives("(l := [3, 1]) & (sort(l) ~=== l) & !l", "3 1 .");
         bad("sort()", 10);
+        bad("sort(" + STALE + ")", 19);
         bad("sort(\"abc\")", 10);
         bad("sort(1)", 10);
         bad("sort(create 1)", 10);

@@ -28,6 +28,10 @@ public final class ProceduresTest extends Check {
         gives("abs ! " + STALE, "break 19 at 4");
         // Arguments behind a procedure's own, or a BUILT-IN one's, are not looked at.
         says("procedure f(a);return a;end;procedure g();return 8;end;procedure main();local s;writes(f(7, " + STALE + "), g(" + STALE + "), abs(-6, " + STALE + "));end", "786");
+        for (String call : new String[] {"f(#)", "f(1, #)", "f(1, 2, #)", "g(#)", "g(1, #)", "h(#)", "h(1, #)"}) {
+            GoalHouse y = whole("procedure f(a[]);return 1;end;procedure g(a, b);return 1;end;procedure h(a, b[]);return 1;end;procedure main();local s;" + call.replace("#", STALE) + ";end");
+            due(call + " looks at it", y.told(0, 3), 19);
+        }
         GoalHouse x = whole("procedure f(a[]);return 1;end;procedure main();local s;f(1, " + STALE + ");end");
         due("those of [ ] are looked at", x.told(0, 3), 19);
         x = whole("record r(a);procedure main();local s;write(image(r(1, " + STALE + ")));r(" + STALE + ");end");
