@@ -183,6 +183,9 @@ public final class BreaksTest extends Check {
         GoalHouse last = body("s := repl(\"ab\", 125); every 1 to 199 do repl(\"x\", 500); t := s || \"\"; write(t[-1], *t, t == s)");
         due("the last byte of 100000", out(last, 0), "b250" + many("ab", 125) + "\n");
         due("made", last.told(0, 7), 100000);
+        last = body("every 1 to 199 do repl(\"x\", 500); repl(\"x\", 499); char(65); write(1); char(66)");
+        due("100000 are not too many", out(last, 0), "1\n");
+        due("100001 are", last.told(0, 3), 13);
         due("100000 are not too many", out(x, 0), "1");
         due("100500 are", x.told(0, 3), 13);
         due("made", x.told(0, 7), 100000);

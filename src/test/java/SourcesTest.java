@@ -637,6 +637,53 @@ public final class SourcesTest extends Check {
         writtenAs("a | |b", "a | (|b)");
     }
 
+    /** The signs of each rank, from the loosest. */
+    private static final String[] RANKS = {"&", "?", ":= <- :=: <-> +:= -:= *:= /:= %:= ^:= ++:= --:= **:= ||:= |||:=", "to", "|",
+        "< <= = >= > ~= << <<= == >>= >> ~== === ~===", "|| |||", "+ - ++ --", "* / % **", "^", "\\ !"};
+
+    /** Each sign ahead of and behind each other one, by their ranks. */
+    private static void pairs() {
+        for (int r = 0; r < RANKS.length; r++) {
+            for (String one : RANKS[r].split(" ")) {
+                StringBuilder source = new StringBuilder("procedure main();");
+                StringBuilder want = new StringBuilder("procedure main();\n");
+                for (int q = 0; q < RANKS.length; q++) {
+                    for (String other : RANKS[q].split(" ")) {
+                        boolean left = r != q ? r > q : r != 2 && r != 9;
+                        source.append("a ").append(one).append(" b ").append(other).append(" c;");
+                        want.append(left ? "   (a " + one + " b) " + other + " c;\n" : "   a " + one + " (b " + other + " c);\n");
+                    }
+                }
+                GoalHouse x = new GoalHouse();
+                due("pairs with " + one, read(x, source + "end"), 0);
+                due("pairs with " + one, written(x, 0), want + "end\n");
+            }
+        }
+        String prefixes = "+ - * / \\ ! ? @ ^ . ~ = | not";
+        for (String prefix : prefixes.split(" ")) {
+            StringBuilder source = new StringBuilder("procedure main();");
+            StringBuilder want = new StringBuilder("procedure main();\n");
+            String p = prefix.equals("not") ? "not " : prefix;
+            for (String rank : RANKS) {
+                for (String sign : rank.split(" ")) {
+                    source.append(p).append("a ").append(sign).append(" ").append(p).append("b;");
+                    want.append("   (").append(p).append("a) ").append(sign).append(" (").append(p).append("b);\n");
+                }
+            }
+            for (String behind : new String[] {"(b)", "[b]", "[b : c]", "[b +: c]", "[b -: c]", ".b"}) {
+                source.append(p).append("a").append(behind).append(";");
+                want.append("   ").append(p).append("a").append(behind).append(";\n");
+            }
+            for (String second : prefixes.split(" ")) {
+                source.append(p).append(" ").append(second).append(" a;");
+                want.append("   ").append(p).append("(").append(second.equals("not") ? "not " : second).append("a);\n");
+            }
+            GoalHouse x = new GoalHouse();
+            due("pairs with " + p, read(x, source + "end"), 0);
+            due("pairs with " + p, written(x, 0), want + "end\n");
+        }
+    }
+
     private static void literals() {
         writtenAs("000", "0");
         writtenAs("00120", "120");
@@ -819,6 +866,7 @@ public final class SourcesTest extends Check {
         ownNames();
         nodes();
         ranks();
+        pairs();
         literals();
         lines();
         calls();
