@@ -66,6 +66,10 @@ public final class LargeTest extends Check {
             "250000000000000000250000000034971615999999999", "500000000000000000500000000069943232",
             "250000000500000000250000000678678581407269597099824869", "500000000000000000500000000357357162099824870",
             "500000000000000001198398753812428203195385332999999999", "500000000000000001198398753812428203195385333",
+            "500000000543954627973250994999999999", "500000000543954627973250995", "500000001037701895029679478124939204", "500000001999999999869286560",
+            "500000001323927981970500351", "500000001999999999", "500000001834183730861676365", "500000001930937568", "420273718840547435159452563", "500000000999999999",
+            "120420722428679887601941555", "500000001779925749", "380534490756613963998630642289324416", "500000001999999999214193478", "966358318033641680000000001", "966358318999999999",
+            "308397940734000442430062961506511547861329821", "500000001999999999229168714928661013", "256815869094485163161706851", "513631737161706852",
             many("9", 60), many("9", 31), many("9", 60), "1" + many("0", 30), "1" + many("0", 59), "3", "1" + many("0", 59), "1" + many("0", 20) + "1"};
         for (int i = 0; i < pairs.length; i += 2) {
             GoalHouse x = body("");
@@ -75,6 +79,20 @@ public final class LargeTest extends Check {
             reckon(x, a + " % " + b, a.remainder(b).toString());
             reckon(x, "-" + a + " / " + b, a.divide(b).negate().toString());
             reckon(x, "-" + a + " % -" + b, a.remainder(b).negate().toString());
+        }
+    }
+
+    /** Products of 60 digits, and of one more; however far beyond. */
+    private static void products() {
+        for (int i = 0; i < 60; i++) {
+            GoalHouse x = body("");
+            String ten = "1" + many("0", i);
+            reckon(x, ten + " * 1" + many("0", 59 - i), "1" + many("0", 59));
+            reckon(x, ten + " * 1" + many("0", Math.min(59, 60 - i)), i == 0 ? "1" + many("0", 59) : "break 12");
+            reckon(x, ten + " * 1" + many("0", Math.min(59, 63 - i)), i < 1 ? "1" + many("0", 59) : "break 12");
+            reckon(x, "-" + ten + " * 1" + many("0", Math.min(59, 72 - i)), i < 1 ? "-1" + many("0", 59) : "break 12");
+            reckon(x, ten + " * 1" + many("0", 59), i < 1 ? "1" + many("0", 59) : "break 12");
+            reckon(x, many("9", i + 1) + " * 10", i < 59 ? many("9", i + 1) + "0" : "break 12");
         }
     }
 
@@ -102,6 +120,10 @@ public final class LargeTest extends Check {
             writes("g := group(); every insert(g, 1 to " + n + "); every insert(g, (1 to " + n + ") || \"\"); every delete(g, 2 to " + n + " by 2); every member(g, x := 1 to " + n + ") & x % 2 = 0 & writes(\"?\");"
                 + "n := 0; every i := !g do if type(i) == \"whole\" then n +:= 1; writes(*g, \" \", n)", (n + (n + 1) / 2) + " " + (n + 1) / 2);
         }
+        gives("(a := group([1, 2, 3, 4, 5, 6])) & (b := group([5, 6, 7, 8, 9, 10])) & (*(a ++ b) | *(a -- b) | *(a ** b))", "10 4 2 .");
+        writes("a := group(); b := group(); every insert(a, 1 to 100); every insert(b, 51 to 150); write(*(a ++ b), \" \", *(a -- b), \" \", *(a ** b), \" \", *(b -- a)); n := 0; every i := !(a ++ b) do (n +:= 1) = i | write(i); write(n)",
+            "150 50 50 50\n150\n");
+        writes("l := []; every put(l, 1 to 100); g := group(l); every 1 to 55 do g ++ g; write(*group(l))", "100\n");
         GoalHouse x = whole("procedure main();t := table(\"none\");every t[[1 to 40][1] | \"a\" || (1 to 40) | set(1 to 9) | &null | main | write] := &pos;every delete(t, 1 to 40 by 3);every delete(t, \"a\" || (1 to 40 by 2));writes(*t);"
             + "every i := 1 to 40 do (if t[i] === \"none\" then i % 3 = 1 else i % 3 ~= 1) | writes(\"?\", i);"
             + "every i := 1 to 40 do (if t[\"a\" || i] === \"none\" then i % 2 = 1 else i % 2 = 0) | writes(\"!\", i);writes(image(t[main]), image(t[writes]), t[&null], t['5'], t['10']);end");
@@ -125,7 +147,9 @@ public final class LargeTest extends Check {
         writtenAs("[" + b + "]", "[" + b + "]");
         writtenAs("{ " + b.toString().replace(",", ";") + " }", "{ " + b.toString().replace(",", ";") + " }");
         writtenAs("case x of { " + b.toString().replace(", ", " : 7; ") + " : 8 }", "case x of { " + b.toString().replace(", ", " : 7; ") + " : 8 }");
-        writtenAs("f(" + many("(a, ", 0) + many("g(1, ", 58) + "2" + many(")", 58) + ")", "f(" + many("g(1, ", 58) + "2" + many(")", 58) + ")");
+        writtenAs(many("a + ", 300) + "b", many("(", 299) + "a" + many(" + a)", 299) + " + b");
+        writtenAs(many("if a then b + (", 28) + "if a then b" + many(")", 28), many("if a then b + (", 28) + "if a then b" + many(")", 28));
+        writtenAs("f(" + many("g(1, ", 58) + "2" + many(")", 58) + ")", "f(" + many("g(1, ", 58) + "2" + many(")", 58) + ")");
     }
 
     private static void manyThings() {
@@ -140,6 +164,7 @@ public final class LargeTest extends Check {
     public static void main(String[] args) {
         wholes();
         quotients();
+        products();
         alike();
         keys();
         manyArguments();

@@ -35,6 +35,8 @@ public final class LibraryTest extends Check {
         gives("bal('b', , , \"a)b\") | bal(')', , , \"a)b\") | bal(, , , \"a)b\") | bal('(', , , \"(a)\") | bal(')', , , \"(a)\")", "2 1 2 1 .");
         gives("bal('b', , , \"a)b\", 3) | bal('+', , , \"(+)+\", 2) | bal('+', , , \"+(+)+\", 5, 1) | bal('+', , , \"+\", 2)", "3 2 1 .");
         gives("\"(+)+\" ? { tab(2); bal('+') | \"-\" | bal('+', , , , 1) }", "2 \"-\" 4 .");
+        gives("bal('+', , , \"a)+\" | \"b+\" | \"(+\" | \"+\")", "2 1 .");
+        gives("upto('+', \"a+\" | \"+\" | \"\" | \"++\") | find(\"+\", \"a+\" | \"+\" | \"\" | \"++\")", "2 1 1 2 2 1 1 2 .");
         gives("bal('a', 'a', 'b', \"aab\") | bal('x', 'x', 'x', \"xx\")", "1 1 2 .");
         // In order: c or t (o, q), s, i, j.
         bad("any([], 1, 2)", 3);
@@ -192,6 +194,8 @@ public final class LibraryTest extends Check {
         bad("key(" + STALE + ")", 19);
         gives("(t := table()) & (t[3] := 0) & (t[1] := 0) & (t[\"3\"] := 0) & (t['3'] := 0) & (t[&null] := 0) & (key(t) | *t)", "3 1 \"3\" '3' &null 5 .");
         gives("key(table()) | !table() | !group()", ".");
+        gives("(t := table()) & (t[1] := 5) & (u := table()) & (u[2] := 6) & (u[3] := 7) & (key(t | u | t) | !(u | t))", "1 2 3 1 6 7 5 .");
+        gives("!(\"ab\" | [3, 4] | group([5, 6]) | \"c\") | seq(1 | 5, 10 | 20) \\ 2 | ((1 | 4) to (2 | 5))", "\"a\" \"b\" 3 4 5 6 \"c\" 1 11 1 2 1 ..");
         gives("(t := table()) & (t[3] := 0) & (t[1] := 0) & (t[3] := 5) & delete(t, 1) & (t[1] := 6) & (key(t) | !t)", "3 1 5 6 .");
     }
 

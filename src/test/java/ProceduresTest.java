@@ -45,6 +45,8 @@ public final class ProceduresTest extends Check {
         says("procedure f(a);a := 5;local_ := 6;return a + local_;end;procedure main();x := 1;writes(f(x), x);end", "111");
         says("procedure f();local a;static b, c;initial { b := 5; writes(\"i\") };/a := 1;a +:= 1;b +:= 1;/c := 0;return a + b * 10 + (c +:= 1) * 100;end;procedure main();writes(f(), \" \", f(), \" \", f());end",
             "i162 272 382");
+        says("procedure f();static a, b;initial a := 1;/b := 5;a +:= 1;return a * 10 + (b +:= 1);end;procedure g();static c, d;initial d := 7;/c := 100;return (c +:= 1) * 10 + d;end;"
+            + "procedure h(n);static a;initial a := 3;a +:= n;return a;end;procedure main();every 1 to 2 do writes(f(), \" \", g(), \" \", h(2), \" \");end", "26 1017 5 37 1027 7 ");
         says("procedure f(n);static s;initial { s := 0; if n > 0 then f(n - 1) };s +:= 1;return s;end;procedure main();writes(f(3));end", "2");
         says("procedure f();initial writes(1) | writes(2);writes(3);end;procedure g();initial writes(4) & &fail;writes(5);return 6;end;procedure main();f();f();writes(g(), g());end", "13345566");
         says("procedure f();end;procedure g();1;2;end;procedure h();return;end;procedure k();return &fail;return 1;end;procedure m();fail;return 1;end;"

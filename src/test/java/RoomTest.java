@@ -51,6 +51,14 @@ public final class RoomTest extends Check {
         writes("s := \"13\"; every i := s[1:2] to s[2:3] do { s := \"99\"; writes(i) }; s := \"12\"; every i := seq(s[1:2], s[2:3]) \\ 3 do { s := \"00\"; writes(i) }", "123135");
         writes("s := \"abc\"; every i := !s[1:4] do { s := \"xyz\"; writes(i) }", "abc");
         writes("s := \"aXa\"; every i := upto(s[1:2], s[1:4]) do { s := \"XXX\"; writes(i) }; s := \"aXa\"; every i := find(s[1:2], s[1:4]) do { s := \"XXX\"; writes(i) }", "1313");
+        writes("s := \"aXa\"; every i := upto(s[1:2], s[1:4]) do { s := \"------\"; [1, s[2:3], s[1:3], s[1:1]]; writes(i) }", "13");
+        writes("s := \"aXa\"; every i := find(s[1:2], s[1:4]) do { s := \"------\"; [1, s[2:3], s[1:3], s[1:1]]; writes(i) }", "13");
+        writes("s := \"a+(a)+a\"; every i := bal(s[2:3], s[3:4], s[5:6], s[1:8]) do { s := \"-----------\"; [1, s[1:2], s[2:3], s[3:4], s[1:9]]; writes(i) }", "26");
+        writes("s := \"13\"; every i := s[1:2] to s[2:3] do { s := \"99\"; [s[1:1], s[2:2], s[1:2]]; writes(i) }", "123");
+        writes("s := \"13\"; every i := seq(s[1:2], s[2:3]) \\ 3 do { s := \"99\"; [s[1:1], s[2:2], s[1:2], s[1:2]]; writes(i) }", "147");
+        writes("s := \"abc\"; every i := !s[1:4] do { s := \"xyz\"; [s[1:2], s[2:3]]; writes(i) }", "abc");
+        writes("s := \"abc\"; x := \"z\"; every (x <- s[1:3]) | write(x) do { s := \"12345\"; [s[3:4], s[2:4], s[1:2]]; write(x) }", "ab\nz\nz\n");
+        writes("s := \"abc\"; every (s[1:3] <- \"Z\") | write(s) do { [s[1:2], s[1:1], s[1:2]]; writes(s, \" \") }", "Zc abc\nabc ");
         writes("s := \"a+(a)+a\"; every i := bal(s[2:3], s[3:4], s[5:6], s[1:8]) do { s := \"+++++++\"; writes(i) }", "26");
         writes("x := 5; every (x <- &pos) | write(x) do { &subject := \"abc\"; &pos := 2; write(x) }", "1\n5\n5\n");
         writes("s := \"abcd\"; every (s[1:3] <- \"XYZ\") | write(s) do write(s)", "XYZcd\nabcd\nabcd\n");

@@ -224,6 +224,9 @@ public final class RunsTest extends Check {
         due("&subject from outside", show(x, 4, 0, 0), "\"base\"");
         due("the part is over", results(x, "@c", 2), ".");
         due("stop wrote", out(x, 0), "\n");
+        x = whole("global a, b, c;procedure main();a := create @b | 1;b := create @c | 2;c := create stop(3) | 4;@a;end");
+        due("ended in three parts", x.told(0, 0), 0);
+        due("all are over", results(x, "@a | @b | @c | *a", 5), "0 .");
         x = whole("procedure main();\"abc\" ? return tab(2);end");
         due("ended by return", x.told(0, 0), 0);
         due("&subject", x.told(0, 9), 0);
@@ -343,6 +346,11 @@ public final class RunsTest extends Check {
         due("no goal", y.next(0, 1), -2);
         due("no result", y.show(0, 1, 0, 0), -2);
         due("a goal of what began anew", results(y, "f()", 1), "5 ..");
+        due("a result", show(y, 1, 0, 0), "5");
+        due("back", y.back(0, 0), 0);
+        due("its goal is no more", y.next(0, 1), -2);
+        due("nor its result", y.show(0, 1, 0, 0), -2);
+        due("again", results(y, "f()", 1), "5 ..");
         due("end tells goals' steps, too", y.end(0), 4);
         // &error, &random, INPUT, OUT go on.
         y = whole("procedure main();&error := 2;&random := 5;end", "one\ntwo");

@@ -369,6 +369,11 @@ public final class SourcesTest extends Check {
         // A case and its { are two.
         fine(many("case a of { 1 : ", 30) + "b" + many("}", 30));
         wrong(many("case a of { 1 : ", 31) + "b" + many("}", 31), 4, 30 * 16);
+        fine(many("(case a of { }) + ", 70) + "1");
+        fine(many("(case a of { 1 : 2 }) + ", 70) + "1");
+        fine(many("(case a of { 1 : 2; }) + ", 70) + "1");
+        fine(many("(case a of { default : 2 }) + ", 70) + "1");
+        fine(many("(if a then b) + (while a do b) + (create c) + [d] + { e } + f(g) + h[i] + ", 40) + "1");
         fine(many("case a of { };", 100));
         fine(many("case a of { 1 : 2 };", 80));
         fine(many("case a of { 1 : 2; };", 80));
@@ -796,6 +801,37 @@ public final class SourcesTest extends Check {
         due("the least free one of two", x.source(), 0);
     }
 
+    /** What a faulty source leaves does nothing to the next one. */
+    private static void behindFaults() {
+        String[] faulty = {"procedure main();create (", "procedure main();repeat (", "procedure main();" + many("(", 60) + "$", "procedure main();case a of { 1 : create", "procedure f();initial create {",
+            "procedure f();static a;b;c $", "global a, b, $", "record r(a, $", "procedure f(a, b[$", "procedure f();x.", "procedure f();f(1,", "\"abc", "procedure f();a\n$"};
+        for (String source : faulty) {
+            GoalHouse x = new GoalHouse();
+            feed(x, source);
+            due(source + " is faulty", x.source() < -9 ? 1 : 0, 1);
+            due("return behind " + source, read(x, "procedure main();local c;a;return b;end"), 0);
+            due("locals behind " + source, x.part(0, 0, 1), 3);
+            due("statics behind " + source, x.part(0, 0, 2), 0);
+            due("nodes behind " + source, x.count(0, 3), 3);
+            due("a node's procedure behind " + source, x.node(0, 0, 1), 0);
+            feed(x, "procedure main();break;end");
+            due("break behind " + source, x.source(), -27);
+            due("its fault", x.fault(0), 5);
+            due("60 open behind " + source, read(x, "procedure main();" + many("(", 60) + "1" + many(")", 60) + ";end"), 1);
+            feed(x, "$");
+            due("a fault at 0 behind " + source, x.source(), -10);
+            due("an empty source behind " + source, read(x, ""), 2);
+            due("no fault then", x.fault(0), 0);
+            x.run(0, 0);
+            x.step(0, 10);
+            feed(x, source);
+            due(source + " as a goal", x.goal(0) < -9 ? 1 : 0, 1);
+            due("a goal behind " + source, results(x, "q | 1", 3), "&null 1 .");
+            feed(x, "return 1");
+            due("return in a goal", x.goal(0), -10);
+        }
+    }
+
     private static void tape() {
         GoalHouse x = new GoalHouse();
         for (int i = 1; i <= 400; i++) {
@@ -870,6 +906,7 @@ public final class SourcesTest extends Check {
         literals();
         lines();
         calls();
+        behindFaults();
         tape();
         looked();
         end();
