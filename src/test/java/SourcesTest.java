@@ -380,6 +380,16 @@ public final class SourcesTest extends Check {
         fine(many("case a of { default : 2 };", 80));
         fine(many("(", 58) + "case a of {}" + many(")", 58));
         wrong(many("(", 59) + "case a of {}" + many(")", 59), 4, 59 + 10);
+        // What is closed is not OPEN any more, and nothing else is closed with it.
+        String[] closed = {"(a)", "()", "[a]", "[]", "{ a }", "{ }", "{ a; }", "{ a; b }", "f(a)", "f()", "f(,)", "a[b]", "a[b : c]", "a.b", "-a", "not a", "(a ^ b)", "a ^ b", "(a := b)", "(case a of { })", "(case a of { 1 : 2 })",
+            "(case a of { 1 : 2; })", "(case a of { ; default : 2 })", "(case a of { 1 : 2; 3 : -4 })", "(if a then b)", "(if a then b else c)", "(while a)", "(until a do b)", "(every a do b)", "(repeat a)", "(repeat break)", "(repeat break a)",
+            "(repeat next)", "(create a)", "(return)", "(return a)", "(suspend)", "(suspend a)", "(suspend a do b)", "(fail)"};
+        for (String c : closed) {
+            fine(c + " + " + many("(", 60) + "1" + many(")", 60));
+            wrong(c + " + " + many("(", 61) + "1" + many(")", 61), 4, c.length() + 3 + 60);
+            fine("[" + c + ", " + many("(", 59) + "1" + many(")", 59) + "]");
+            wrong("[" + c + ", " + many("(", 60) + "1" + many(")", 60) + "]", 4, c.length() + 3 + 59);
+        }
         // The least of several at one word.
         fine(many("(", 60) + many(")", 60));
         wrong(many("(", 60) + "a(", 4, 61);
