@@ -305,7 +305,47 @@ public final class LibraryTest extends Check {
         gives("abs(-1, " + STALE + ") | digits(1, []) | char(65, []) | type(1, " + STALE + ") | *list(1, 2, " + STALE + ")", "1 1 \"A\" \"whole\" 1 .");
     }
 
+    /** By which number each argument BREAKS if it is a procedure; 0: any value is right. */
+    private static final String[] ARGUMENTS = {"any 3 2 1 1", "many 3 2 1 1", "upto 3 2 1 1", "match 2 2 1 1", "find 2 2 1 1", "bal 3 3 3 2 1 1", "tab 1", "move 1", "pos 1",
+        "write 2 2 2", "writes 2 2 2", "stop 2 2 2", "image 0", "type 0", "proc 2", "copy 0", "whole 0", "text 0", "set 0", "number 0", "list 1 0", "group 5", "table 0", "put 5 0 0", "push 5 0 0",
+        "get 5", "pull 5", "insert 9 0 0", "delete 9 0", "member 9 0", "key 9", "sort 10", "left 2 1 2", "right 2 1 2", "center 2 1 2", "trim 2 3", "repl 2 1", "reverse 2", "map 2 2 2", "char 1",
+        "ord 2", "seq 1 1", "abs 1", "min 1 1 1", "max 1 1 1", "gcd 1 1", "digits 1"};
+
+    private static String right(int kind) {
+        return kind == 1 ? "1" : kind == 2 ? "\"a\"" : kind == 3 ? "'a'" : kind == 9 ? "table()" : kind == 0 ? "7" : "[]";
+    }
+
+    /** Each argument wrong or stale, behind right ones and in front of wrong and stale ones. */
+    private static void inOrder() {
+        for (String row : ARGUMENTS) {
+            String[] words = row.split(" ");
+            GoalHouse x = body("");
+            StringBuilder ahead = new StringBuilder();
+            for (int i = 1; i < words.length; i++) {
+                int kind = Integer.parseInt(words[i]);
+                for (String behind : new String[] {"", ", main", ", " + STALE}) {
+                    String call = words[0] + "(" + ahead + STALE + behind + ")";
+                    due(call, results(x, call, 2), "break 19 at " + words[0].length());
+                    call = words[0] + "(" + ahead + "main" + behind + ")";
+                    if (kind > 0) {
+                        due(call, results(x, call, 2), "break " + kind + " at " + words[0].length());
+                        call = words[0] + " ! (" + ahead.toString().replaceAll("^", "[") + "main])";
+                        due(call, results(x, call, 2), "break " + kind + " at " + (words[0].length() + 1));
+                    }
+                }
+                ahead.append(right(kind)).append(", ");
+            }
+            for (String behind : new String[] {"main", STALE}) {
+                String call = words[0] + "(" + ahead + behind + ")";
+                boolean all = words[0].startsWith("writ") || words[0].startsWith("stop") || words[0].startsWith("pu") && !words[0].equals("pull") || words[0].equals("min") || words[0].equals("max");
+                String got = results(x, call, 2);
+                due(call + " looks at what is behind", got.startsWith("break") ? 1 : 0, all && !(words[0].startsWith("pu") && behind.equals("main")) ? 1 : 0);
+            }
+        }
+    }
+
     public static void main(String[] args) {
+        inOrder();
         scanned();
         tabs();
         outAndIn();
