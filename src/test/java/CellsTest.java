@@ -17,6 +17,17 @@ public final class CellsTest extends Check {
         gives("(x := 5) & (((x <- 6 | 7) & x & &fail) | x)", "5 .");
         gives("(x := 5) & ((x <- 6 | 7) & x)", "6 7 .");
         gives("(x := 5) & (((x <- 6) & (x := 8) & &fail) | x)", "5 .");
+        // Only <- and <-> put back.
+        gives("(x := 5) & (((x := 6) & &fail) | x)", "6 .");
+        gives("(x := 1) & (y := 2) & (((x :=: y) & &fail) | x | y)", "2 1 .");
+        gives("(x := 5) & (((x +:= 6) & &fail) | x)", "11 .");
+        gives("(x := \"ab\") & (((x[1] := \"c\") & &fail) | x)", "\"cb\" .");
+        gives("(x := \"ab\") & (((x[1] :=: x[2]) & &fail) | x)", "\"ba\" .");
+        gives("\"abc\" ? (((&pos := 3) & &fail) | &pos)", "3 .");
+        // What was put back is put again as b gives more.
+        gives("(x := 5) & ((x <- 6 | 7) & (&fail | x)) | x", "6 7 5 .");
+        gives("(x := 5) & (((x <- 6 | 7) & (x := x + 10) & &fail) | x)", "5 .");
+        gives("(x := 1) & (y := [2, 3]) & (((x <-> !y) & &fail) | x | !y)", "1 2 3 .");
         gives("1 <- 2", "break 4 at 2");
         gives("(x := 1) & (y := 2) & (x :=: y) & (x | y)", "2 1 .");
         gives("(x := 1) & (x :=: x) & x", "1 .");
