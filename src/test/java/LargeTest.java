@@ -141,6 +141,8 @@ public final class LargeTest extends Check {
         gives("max(" + b + ") | 1(" + b + ") | 77(" + b + ") | (-1)(" + b + ") | *[" + b + "] | [" + b + "][64] | min(" + b + ")", "100 1 77 100 100 64 1 .");
         gives("(l := [" + b + "]) & (max ! l | 40 ! l | (-1) ! l)", "100 40 100 .");
         gives(sum.toString(), "5050 .");
+        writes("l := []; every put(l, 1 to 100); write(max ! l, \" \", min ! l, \" \", 1 ! l, \" \", 31 ! l, \" \", 32 ! l, \" \", 33 ! l, \" \", 64 ! l, \" \", (-1) ! l)", "100 1 1 31 32 33 64 100\n");
+        says("procedure f(a, b[]);return a * 1000000 + b[1] * 10000 + b[62] * 100 + *b;end;procedure main();l := [];every put(l, 1 to 63);write(f ! l);end", "1026362\n");
         writes("l := [" + b + "]; write ! l", b.toString().replace(", ", "") + "\n");
         says("procedure f(a, b[]);return a + *b + b[99] + b[1];end;procedure main();write(f(" + b + "));end", 1 + 99 + 100 + 2 + "\n");
         writtenAs("f(" + b + ")", "f(" + b + ")");

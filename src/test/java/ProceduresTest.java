@@ -116,6 +116,25 @@ public final class ProceduresTest extends Check {
             "no7no7");
     }
 
+    /** Parts that a run was in are not active when it begins anew. */
+    private static void begunAnew() {
+        GoalHouse x = new GoalHouse();
+        read(x, "global l;procedure f(i);return @l[i + 1];end;procedure main();l := [];every i := 1 to 59 do put(l, create f(i));put(l, create { write(1); repeat 1 });@l[1];end");
+        x.run(0, 0);
+        due("goes on in 60 parts", x.step(0, 3000), 1);
+        due("it has begun the last one", out(x, 0), "1\n");
+        due("begun anew", x.back(0, 3000), 1);
+        due("in 60 parts again", out(x, 0), "1\n");
+        due("no break", x.told(0, 3), 0);
+        GoalHouse y = new GoalHouse();
+        read(y, "global c;procedure main();c := create { repeat 1 };@c;end");
+        y.run(0, 0);
+        y.step(0, 100);
+        due("in a part", y.back(0, 50), 1);
+        due("in it again", y.back(0, 100), 1);
+        due("&pos of it", y.told(0, 8), 1);
+    }
+
     private static void events() {
         GoalHouse x = whole("procedure main();every f(1);g();return;end;procedure f(n);suspend n;fail;end;procedure g();return 5;end");
         // kind, procedure, calls, steps: every, f(, f, 1 are begun; then suspend and n.
@@ -213,6 +232,7 @@ public final class ProceduresTest extends Check {
         suspends();
         deep();
         parts();
+        begunAnew();
         events();
         counted();
         end();
