@@ -3938,7 +3938,7 @@ public final class GoalHouse {
                 case Val.SECTION:
                     Val old = value(c.in, 0);
                     int before = told[MADE];
-                    Val all = old == null ? null : replaced(c, v, old);
+                    Val all = old == null ? null : replaced(c, kit.text(v, 0), old);
                     if (all == null || c.in.kind == Val.COMING && assignComing(c.in, all) != GAVE) {
                         told[MADE] = before;
                         return BROKE;
@@ -3979,14 +3979,13 @@ public final class GoalHouse {
             return GAVE;
         }
 
-        /** The text old with a section's bytes replaced by v's; null: BREAKS. The section is looked at ahead of v. */
-        private Val replaced(Val c, Val v, Val old) {
-            if (old.kind != Val.TEXT || old.len < c.off + c.len) {
-                kit.breaks(19, kit.nul);
+        /** The text old with a section's bytes replaced; null: BREAKS. */
+        private Val replaced(Val c, Val t, Val old) {
+            if (t == null) {
                 return null;
             }
-            Val t = kit.text(v, 0);
-            if (t == null) {
+            if (old.kind != Val.TEXT || old.len < c.off + c.len) {
+                kit.breaks(19, kit.nul);
                 return null;
             }
             Val all = make(old.len - c.len + t.len);

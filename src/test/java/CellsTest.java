@@ -123,7 +123,9 @@ public final class CellsTest extends Check {
         gives("(x := \"abc\") & (x[2:4] := (x := \"wx\"))", "break 19 at 23");
         gives("(x := \"abc\") & (x[2:4] := (x := 1234))", "break 19 at 23");
         gives("(x := \"abc\") & (x[2:4] := (x := \"wxyz\")) & x", "\"wwxyzz\" .");
-        gives("(x := \"abc\") & (x[2:4] := ((x := \"w\") & &null))", "break 19 at 23");
+        gives("(x := \"abc\") & (x[2:4] := ((x := \"w\") & &null))", "break 2 at 23");
+        gives("(x := \"abc\") & (x[2:4] <- ((x := \"w\") & &null))", "break 19 at 23");
+        gives("(x := \"abc\") & (x[2:4] ||:= ((x := \"w\") & &null))", "break 19 at 23");
         // What can't be put back stays.
         gives("(x := \"abcd\") & (((x[3:5] <- \"-\") & (x := \"ab\") & &fail) | x)", "\"ab\" .");
         gives("(x := \"abcd\") & (((x[3:5] <- \"-\") & (x := \"abz\") & &fail) | x)", "\"abcd\" .");
