@@ -811,6 +811,45 @@ public final class SourcesTest extends Check {
         due("the least free one of two", x.source(), 0);
     }
 
+    /** A goal has the same limits, and nothing of a source around it. */
+    private static void goals() {
+        GoalHouse x = body("");
+        feed(x, many("1|", 749) + "-+2");
+        due("a goal of 1501 nodes", x.goal(0), -10 - 2 * 749 - 2);
+        due("its fault", x.fault(0), 4);
+        feed(x, many("1|", 749) + "-2");
+        due("a goal of 1500 nodes", x.goal(0), 0);
+        due("its first result", x.next(0, 4000), 1);
+        feed(x, many("(", 61) + "1" + many(")", 61));
+        due("61 open", x.goal(0), -70);
+        due("its fault", x.fault(0), 4);
+        due("60 open", results(x, many("(", 60) + "1" + many(")", 60), 2), "1 .");
+        due("60 open in one another", results(x, many("{", 60) + "7" + many("}", 60), 2), "7 .");
+        goalFault("case 1 of { default : 1; default : 2 }", 3, 25);
+        goalFault("1;", 2, 1);
+        goalFault(";1", 2, 0);
+        goalFault("1 1", 2, 2);
+        goalFault("local a", 2, 0);
+        goalFault("procedure f();end", 2, 0);
+        goalFault("end", 2, 0);
+        goalFault("(1", 2, 2);
+        goalFault("$", 1, 0);
+        goalFault("abcdefghijklmnopqrstu", 1, 20);
+        goalFault("\"abc", 1, 4);
+        goalFault("", 2, 0);
+        goalFault("# 1", 2, 3);
+        goalFault("create fail", 5, 7);
+        goalFault("suspend", 5, 0);
+        goalFault("next", 5, 0);
+        goalFault("repeat break break", 5, 13);
+        gives("(a := 1) & (b := 2) & (a | b | /c)", "1 2 &null .");
+        GoalHouse y = whole("global g, write2;record r(f);procedure p();end;procedure main();end");
+        feed(y, "g & write2 & r & p & main & write & abs & x & y & x.z & &pos");
+        due("its own NAMES", y.goal(0), 2);
+        feed(y, "1");
+        due("none of its own", y.goal(0), 0);
+    }
+
     /** What a faulty source leaves does nothing to the next one. */
     private static void behindFaults() {
         String[] faulty = {"procedure main();create (", "procedure main();repeat (", "procedure main();" + many("(", 60) + "$", "procedure main();case a of { 1 : create", "procedure f();initial create {",
@@ -916,6 +955,7 @@ public final class SourcesTest extends Check {
         literals();
         lines();
         calls();
+        goals();
         behindFaults();
         tape();
         looked();
