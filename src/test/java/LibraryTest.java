@@ -330,7 +330,7 @@ public final class LibraryTest extends Check {
                     call = words[0] + "(" + ahead + "main" + behind + ")";
                     if (kind > 0) {
                         due(call, results(x, call, 2), "break " + kind + " at " + words[0].length());
-                        call = words[0] + " ! (" + ahead.toString().replaceAll("^", "[") + "main])";
+                        call = words[0] + " ! ([" + ahead + "main])";
                         due(call, results(x, call, 2), "break " + kind + " at " + (words[0].length() + 1));
                     }
                 }
